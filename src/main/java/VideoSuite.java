@@ -392,7 +392,7 @@ public final class VideoSuite {
         if (how < 0 || how > 4) {
             throw new IllegalArgumentException("no such how");
         }
-        if (!coder.isOpen) {
+        if (!coder.isOpen()) {
             throw new IllegalStateException("not OPEN yet");
         }
         switch (how) {
@@ -416,7 +416,7 @@ public final class VideoSuite {
     }
 
     public int encode() throws IllegalStateException {
-        if (!coder.isOpen || coder.isSpent()) {
+        if (!coder.isOpen() || coder.isSpent()) {
             throw new IllegalStateException("no PICTURE can be coded");
         }
         coder.hold();
@@ -439,7 +439,7 @@ public final class VideoSuite {
     }
 
     public int finish() throws IllegalStateException {
-        if (!coder.isOpen) {
+        if (!coder.isOpen()) {
             throw new IllegalStateException("not OPEN yet");
         }
         for (int slot = 0; slot < coder.waiting; slot++) {
@@ -2823,7 +2823,7 @@ public final class VideoSuite {
         private void setQuarter(int mb, int list, int q, int r, int moveX, int moveY) {
             Picture entry = r < 0 ? null : lists[9 * list + r];
             for (int i = 0; i < 4; i++) {
-                int at = Picture.at(list, 16 * mb + 4 * q + i);
+                int at = Picture.MOST_PIECES * list + 16 * mb + 4 * q + i;
                 pic.reference[at] = r;
                 pic.referenceId[at] = entry == null ? 0 : entry.id;
                 pic.move[2 * at] = moveX;
@@ -2832,7 +2832,7 @@ public final class VideoSuite {
         }
 
         private int referenceAt(int list, int piece) {
-            return piece < 0 ? -1 : pic.reference[Picture.at(list, piece)];
+            return piece < 0 ? -1 : pic.reference[Picture.MOST_PIECES * list + piece];
         }
 
         /** The GUESS of the VECTOR of a part: its first piece, its width, its way. */
@@ -2863,7 +2863,7 @@ public final class VideoSuite {
         }
 
         private void adopt(int list, int piece) {
-            int at = 2 * Picture.at(list, piece);
+            int at = 2 * (Picture.MOST_PIECES * list + piece);
             guessX = pic.move[at];
             guessY = pic.move[at + 1];
         }
@@ -2871,10 +2871,11 @@ public final class VideoSuite {
         private void adoptMedian(int list, int left, int above, int behind) {
             int x = 0;
             int y = 0;
+            int base = 2 * Picture.MOST_PIECES * list;
             for (int i = 0; i < 2; i++) {
-                int a = left < 0 ? 0 : pic.move[2 * Picture.at(list, left) + i];
-                int b = above < 0 ? 0 : pic.move[2 * Picture.at(list, above) + i];
-                int c = behind < 0 ? 0 : pic.move[2 * Picture.at(list, behind) + i];
+                int a = left < 0 ? 0 : pic.move[base + 2 * left + i];
+                int b = above < 0 ? 0 : pic.move[base + 2 * above + i];
+                int c = behind < 0 ? 0 : pic.move[base + 2 * behind + i];
                 int least = a < b ? a : b;
                 int most = a < b ? b : a;
                 int middle = c < least ? least : c > most ? most : c;
@@ -2894,6 +2895,14 @@ public final class VideoSuite {
             if (left >= 0 && above >= 0 && !isAtRest(left) && !isAtRest(above)) {
                 guess(mb, 0, 0, 0, 16, 0);
             }
+        }
+
+        /** A BLOCK of P becomes a SKIPPED one. */
+        void skip(int mb) {
+            guessSkipped(mb);
+            plan(SORT_P, 0);
+            setReference(mb, 0, 0, 0);
+            setMove(mb, 0, 0, guessX, guessY);
         }
 
         private boolean isAtRest(int piece) {
@@ -4355,6 +4364,9 @@ public final class VideoSuite {
                     readSkipped(mb);
                 } else {
                     readBlock(mb);
+                    if (work.info[8 * mb + Work.KIND] == RAW) {
+                        reader.rawSamples(samples.guess);
+                    }
                     readReferences(mb, 0);
                     readReferences(mb, 1);
                     readVectors(mb, 0);
@@ -4398,10 +4410,7 @@ public final class VideoSuite {
             if (work.lists[0] == null) {
                 reader.failHere(WRONG);
             }
-            work.guessSkipped(mb);
-            work.plan(SORT_P, 0);
-            work.setReference(mb, 0, 0, 0);
-            work.setMove(mb, 0, 0, work.guessX, work.guessY);
+            work.skip(mb);
         }
 
         /** A BLOCK up to its references. */
@@ -4415,7 +4424,6 @@ public final class VideoSuite {
             work.info[8 * mb + Work.TYPE] = type;
             if (type == bias + 25) {
                 work.info[8 * mb + Work.KIND] = RAW;
-                reader.rawSamples(samples.guess);
             } else if (type > bias) {
                 readSixteen(mb, type - bias - 1);
             } else if (type == bias) {
@@ -4644,11 +4652,11 @@ public final class VideoSuite {
         static final int INPUT = 9;
         static final int SPARE = 6;
         static final int NEVER = 2147483647;
-        /** What stands where in choice: cost, kind, type or mode, and FOUR's modes. */
-        static final int COST = 0;
-        static final int CHOSEN = 1;
-        static final int TYPE = 2;
-        static final int MODES = 3;
+        /** What stands where in choice, behind the best of each list: cost, kind, type or mode, FOUR's modes. */
+        static final int COST = 10;
+        static final int CHOSEN = 11;
+        static final int TYPE = 12;
+        static final int MODES = 13;
 
         final int[] setting = AT_FIRST.clone();
         final int[] now = new int[SETTINGS];
@@ -4657,12 +4665,9 @@ public final class VideoSuite {
         private final Samples samples = new Samples();
         private final Edges edges = new Edges();
         private final Store store = new Store();
-        private final Header head = new Header();
         private final int[] sequence = new int[S_ROW];
-        private final int[] parameters = new int[P_ROW];
         private final int[][] planes = new int[12][0];
         private final int[][] source = new int[3][0];
-        boolean isOpen;
         int waiting;
         private int come;
         private int ownAt;
@@ -4674,9 +4679,17 @@ public final class VideoSuite {
         private int spent;
         /** STEP of the BLOCK before. */
         private int step;
-        /** For each list the best reference: cost, reference, x, y, bits. */
-        private final int[] best = new int[10];
-        private final int[] choice = new int[19];
+        /** For each list the best reference: cost, reference, x, y, bits; then what is chosen of all. */
+        private final int[] choice = new int[10 + 19];
+
+        Coder() {
+            work.head = new Header();
+            work.par = new int[P_ROW];
+        }
+
+        boolean isOpen() {
+            return now[0] > 0;
+        }
 
         boolean maySet(int what, int v) {
             return what >= 0 && what < SETTINGS && v >= LEAST[what] && v <= MOST[what];
@@ -4695,7 +4708,6 @@ public final class VideoSuite {
         /** OPEN. */
         void start() {
             System.arraycopy(setting, 0, now, 0, SETTINGS);
-            isOpen = true;
             waiting = 0;
             come = 0;
             ownAt = 0;
@@ -4707,8 +4719,6 @@ public final class VideoSuite {
             writer.length = 0;
             writer.units = 0;
             fillSets();
-            work.head = head;
-            work.par = parameters;
             for (int i = 0; i < 12; i++) {
                 int need = now[0] * now[1] * (i % 3 == 0 ? 256 : 64);
                 if (planes[i].length < need) {
@@ -4728,16 +4738,16 @@ public final class VideoSuite {
             sequence[S_KIND] = now[KIND];
             sequence[S_LOW] = 8;
             sequence[S_REFS] = now[REFS];
-            Arrays.fill(parameters, 0);
-            parameters[P_CODING] = now[2];
-            parameters[P_N0] = now[REFS];
-            parameters[P_N1] = 1;
-            parameters[P_WEIGHTED] = now[WEIGHTED];
-            parameters[P_BOTH] = now[BOTH];
-            parameters[P_STEP] = now[STEPS] - 26;
-            parameters[P_APART] = now[APART];
-            parameters[P_EDGES] = 1;
-            parameters[P_OWN] = now[OWN];
+            Arrays.fill(work.par, 0);
+            work.par[P_CODING] = now[2];
+            work.par[P_N0] = now[REFS];
+            work.par[P_N1] = 1;
+            work.par[P_WEIGHTED] = now[WEIGHTED];
+            work.par[P_BOTH] = now[BOTH];
+            work.par[P_STEP] = now[STEPS] - 26;
+            work.par[P_APART] = now[APART];
+            work.par[P_EDGES] = 1;
+            work.par[P_OWN] = now[OWN];
         }
 
         private void flag(int b) {
@@ -4899,7 +4909,10 @@ public final class VideoSuite {
                 chance = before;
                 beginTry(q);
                 for (int mb = 0; mb < blocks; mb++) {
-                    beginSlice(mb);
+                    if (isSliceEdge(mb)) {
+                        beginSlice(mb);
+                        writeHeader();
+                    }
                     if (now[ALL_RAW] == 1) {
                         work.info[8 * mb + Work.KIND] = RAW;
                     } else if (now[WAY] == 1) {
@@ -4928,7 +4941,7 @@ public final class VideoSuite {
         private void beginPicture(int slot, int sort) {
             int number = come - waiting + slot;
             boolean own = sort == SORT_I;
-            int[] v = head.v;
+            int[] v = work.head.v;
             Arrays.fill(v, 0);
             ownAt = own ? number : ownAt;
             v[Header.TYPE] = own ? 5 : 1;
@@ -4958,7 +4971,7 @@ public final class VideoSuite {
         }
 
         private void beginTry(int q) {
-            head.v[Header.STEP] = q;
+            work.head.v[Header.STEP] = q;
             spent += now[0] * now[1];
             work.begin(work.pic);
         }
@@ -4974,15 +4987,15 @@ public final class VideoSuite {
                 int at = 7 * codedCount;
                 codedFact[at] = bits;
                 codedFact[at + 1] = q;
-                codedFact[at + 2] = head.v[Header.SORT];
+                codedFact[at + 2] = work.head.v[Header.SORT];
                 codedFact[at + 3] = tries;
                 codedFact[at + 4] = pic.order;
                 codedFact[at + 5] = hash(pic.plane[0], 0, 256 * pic.blocks());
                 codedFact[at + 6] = reserve;
             }
             codedCount++;
-            store.acceptCoded(pic, head, sequence);
-            if (head.v[Header.REF] != 0) {
+            store.acceptCoded(pic, work.head, sequence);
+            if (work.head.v[Header.REF] != 0) {
                 store.last = pic.frame;
             }
         }
@@ -4992,29 +5005,22 @@ public final class VideoSuite {
         }
 
         private void beginSlice(int mb) {
-            if (!isSliceEdge(mb)) {
-                return;
-            }
-            int[] v = head.v;
+            int[] v = work.head.v;
             v[Header.FIRST] = mb;
             step = v[Header.STEP];
             work.sliceNumber++;
             store.makeLists(work, FRAMES);
             writer.beginUnit(v[Header.REF] << 5 | v[Header.TYPE]);
             writer.run = 0;
-            writeHeader();
-            if (parameters[P_CODING] == 1) {
-                writer.beginData();
-            }
         }
 
         private void writeHeader() {
-            int[] v = head.v;
+            int[] v = work.head.v;
             writer.ue(0, v[Header.FIRST]);
             writer.ue(0, v[Header.SORT]);
             writer.ue(0, 0);
             writer.code(0, v[Header.FRAME], 8);
-            if (head.isOwn()) {
+            if (work.head.isOwn()) {
                 writer.ue(0, v[Header.OWN_ID]);
             }
             if (now[KIND] == 0) {
@@ -5023,13 +5029,16 @@ public final class VideoSuite {
             if (v[Header.SORT] != SORT_I) {
                 writeLists();
             }
+            if (v[Header.SORT] == SORT_P && now[WEIGHTED] == 1) {
+                writeWeights();
+            }
             if (v[Header.REF] != 0) {
                 flag(0);
             }
-            if (head.isOwn()) {
+            if (work.head.isOwn()) {
                 flag(0);
             }
-            if (parameters[P_CODING] == 1 && v[Header.SORT] != SORT_I) {
+            if (work.par[P_CODING] == 1 && v[Header.SORT] != SORT_I) {
                 writer.ue(0, 0);
             }
             writer.se(0, v[Header.STEP] - now[STEPS]);
@@ -5038,10 +5047,13 @@ public final class VideoSuite {
                 writer.se(0, v[Header.A]);
                 writer.se(0, v[Header.B]);
             }
+            if (work.par[P_CODING] == 1) {
+                writer.beginData();
+            }
         }
 
         private void writeLists() {
-            int[] v = head.v;
+            int[] v = work.head.v;
             boolean isB = v[Header.SORT] == SORT_B;
             if (isB) {
                 flag(v[Header.SPACE]);
@@ -5057,31 +5069,29 @@ public final class VideoSuite {
             flag(0);
             if (isB) {
                 flag(0);
-            } else if (now[WEIGHTED] == 1) {
-                writeWeights();
             }
         }
 
         private void writeWeights() {
-            head.v[Header.SHIFT] = 5;
-            head.v[Header.COLOUR_SHIFT] = 5;
-            head.clearWeights();
+            work.head.v[Header.SHIFT] = 5;
+            work.head.v[Header.COLOUR_SHIFT] = 5;
+            work.head.clearWeights();
             writer.ue(0, 5);
             writer.ue(0, 5);
-            for (int r = 0; r < head.v[Header.N0] && r < 8; r++) {
+            for (int r = 0; r < work.head.v[Header.N0] && r < 8; r++) {
                 int at = Header.weightAt(0, r, 0);
-                head.weight[at] = 32 + draw(9) - 4;
-                head.weight[at + 1] = draw(9) - 4;
+                work.head.weight[at] = 32 + draw(9) - 4;
+                work.head.weight[at + 1] = draw(9) - 4;
                 flag(1);
-                writer.se(0, head.weight[at]);
-                writer.se(0, head.weight[at + 1]);
+                writer.se(0, work.head.weight[at]);
+                writer.se(0, work.head.weight[at + 1]);
                 flag(0);
             }
         }
 
         private void endSlice(int mb) {
             boolean isLast = isSliceEdge(mb + 1);
-            boolean arith = parameters[P_CODING] == 1;
+            boolean arith = work.par[P_CODING] == 1;
             if (arith) {
                 writer.last(isLast);
             }
@@ -5134,7 +5144,7 @@ public final class VideoSuite {
 
         private void chooseByChance(int mb) {
             int at = 8 * mb;
-            int sort = head.v[Header.SORT];
+            int sort = work.head.v[Header.SORT];
             int t = draw(16);
             if (t == 0) {
                 if (draw(8) == 0) {
@@ -5186,12 +5196,12 @@ public final class VideoSuite {
                 return;
             }
             if (type < 0) {
-                useSkipped(mb);
+                work.skip(mb);
                 return;
             }
             work.plan(sort, type);
             for (int list = 0; list < 2; list++) {
-                int n = head.v[Header.N0 + list];
+                int n = work.head.v[Header.N0 + list];
                 for (int g = 0; g < work.groups; g++) {
                     if ((work.group[4 * g + 3] >> list & 1) == 1) {
                         work.setReference(mb, list, g, n > 1 ? draw(n) : 0);
@@ -5200,13 +5210,6 @@ public final class VideoSuite {
             }
             drawVectors(mb, 0);
             drawVectors(mb, 1);
-        }
-
-        private void useSkipped(int mb) {
-            work.guessSkipped(mb);
-            work.plan(SORT_P, 0);
-            work.setReference(mb, 0, 0, 0);
-            work.setMove(mb, 0, 0, work.guessX, work.guessY);
         }
 
         /** Answers which quarters are DIRECT. */
@@ -5246,7 +5249,7 @@ public final class VideoSuite {
         }
 
         private int drawStep(int mb) {
-            int q = head.v[Header.STEP];
+            int q = work.head.v[Header.STEP];
             int at = 8 * mb;
             boolean isSkipped = work.info[at + Work.KIND] == BY_LISTS && work.info[at + Work.TYPE] < 0;
             if (now[WAY] == 0 || work.info[at + Work.KIND] == RAW || isSkipped || draw(4) != 0) {
@@ -5264,17 +5267,17 @@ public final class VideoSuite {
         }
 
         private void chooseByCosts(int mb) {
-            int sort = head.v[Header.SORT];
+            int sort = work.head.v[Header.SORT];
             choice[COST] = NEVER;
             choice[CHOSEN] = SIXTEEN;
             choice[TYPE] = 2;
             if (sort != SORT_I) {
                 searchList(mb, 0);
-                offer(best[0], BY_LISTS, sort == SORT_P ? 0 : 1);
+                offer(choice[0], BY_LISTS, sort == SORT_P ? 0 : 1);
             }
             if (sort == SORT_B) {
                 searchList(mb, 1);
-                offer(best[5], BY_LISTS, 2);
+                offer(choice[5], BY_LISTS, 2);
                 offer(costOfBoth(mb), BY_LISTS, 3);
                 offer(costOfDirect(mb), BY_LISTS, 0);
             }
@@ -5299,13 +5302,13 @@ public final class VideoSuite {
         }
 
         private int priceOfBit() {
-            return head.v[Header.STEP] / 4 + 1;
+            return work.head.v[Header.STEP] / 4 + 1;
         }
 
         /** Finds the best reference and VECTOR of a list for the whole BLOCK. */
         private void searchList(int mb, int list) {
-            best[5 * list] = NEVER;
-            for (int r = 0; r < head.v[Header.N0 + list]; r++) {
+            choice[5 * list] = NEVER;
+            for (int r = 0; r < work.head.v[Header.N0 + list]; r++) {
                 work.guess(mb, list, r, 0, 16, 0);
                 int midX = work.guessX + 2 >> 2;
                 int midY = work.guessY + 2 >> 2;
@@ -5343,17 +5346,17 @@ public final class VideoSuite {
 
         private void noteBest(int list, int cost, int r, int x, int y) {
             int at = 5 * list;
-            if (cost < best[at]) {
-                best[at] = cost;
-                best[at + 1] = r;
-                best[at + 2] = x;
-                best[at + 3] = y;
-                best[at + 4] = bitsOf(list, r, x, y);
+            if (cost < choice[at]) {
+                choice[at] = cost;
+                choice[at + 1] = r;
+                choice[at + 2] = x;
+                choice[at + 3] = y;
+                choice[at + 4] = bitsOf(list, r, x, y);
             }
         }
 
         private int bitsOf(int list, int r, int x, int y) {
-            int n = head.v[Header.N0 + list];
+            int n = work.head.v[Header.N0 + list];
             return Writer.bitsOfUe(Writer.indexOfSe(x - work.guessX)) + Writer.bitsOfUe(Writer.indexOfSe(y - work.guessY))
                     + (n > 1 ? Writer.bitsOfTe(n - 1, r) : 0);
         }
@@ -5372,14 +5375,14 @@ public final class VideoSuite {
         }
 
         private int costOfBoth(int mb) {
-            if (best[0] == NEVER || best[5] == NEVER) {
+            if (choice[0] == NEVER || choice[5] == NEVER) {
                 return NEVER;
             }
             for (int list = 0; list < 2; list++) {
-                System.arraycopy(best, 5 * list + 1, samples.motion, 3 * list, 3);
+                System.arraycopy(choice, 5 * list + 1, samples.motion, 3 * list, 3);
             }
             samples.predictRegion(work, mb, 0, 16, false);
-            return samples.differences(work, source[0], mb, 0, 16) + priceOfBit() * (best[4] + best[9]);
+            return samples.differences(work, source[0], mb, 0, 16) + priceOfBit() * (choice[4] + choice[9]);
         }
 
         private int costOfDirect(int mb) {
@@ -5393,7 +5396,7 @@ public final class VideoSuite {
         private int costOfFour(int mb, int sides) {
             int cost = 0;
             int bits = 8;
-            int q = head.v[Header.STEP];
+            int q = work.head.v[Header.STEP];
             work.clearBlock(mb);
             work.info[8 * mb + Work.KIND] = FOUR;
             for (int b = 0; b < 16; b++) {
@@ -5430,9 +5433,9 @@ public final class VideoSuite {
             work.plan(sort, type);
             for (int list = 0; list < 2; list++) {
                 if ((work.part[3] >> list & 1) == 1) {
-                    work.guess(mb, list, best[5 * list + 1], 0, 16, 0);
-                    work.setReference(mb, list, 0, best[5 * list + 1]);
-                    setVector(mb, list, 0, best[5 * list + 2], best[5 * list + 3]);
+                    work.guess(mb, list, choice[5 * list + 1], 0, 16, 0);
+                    work.setReference(mb, list, 0, choice[5 * list + 1]);
+                    setVector(mb, list, 0, choice[5 * list + 2], choice[5 * list + 3]);
                 }
             }
         }
@@ -5455,7 +5458,7 @@ public final class VideoSuite {
         private void build(int mb, int q) {
             int at = 8 * mb;
             int kind = work.info[at + Work.KIND];
-            int colourQ = Samples.colourStep(q, parameters[P_APART]);
+            int colourQ = Samples.colourStep(q, work.par[P_APART]);
             boolean isI = kind != BY_LISTS;
             boolean isSkipped = !isI && work.info[at + Work.TYPE] < 0;
             int sides = work.sides(mb);
@@ -5507,7 +5510,7 @@ public final class VideoSuite {
                     || work.info[at + Work.LUMA] + work.info[at + Work.CHROMA] > 0) {
                 return false;
             }
-            if (head.v[Header.SORT] == SORT_B) {
+            if (work.head.v[Header.SORT] == SORT_B) {
                 return true;
             }
             work.guessSkipped(mb);
@@ -5522,9 +5525,9 @@ public final class VideoSuite {
 
         private void writeBlock(int mb) {
             int at = 8 * mb;
-            int sort = head.v[Header.SORT];
+            int sort = work.head.v[Header.SORT];
             int kind = work.info[at + Work.KIND];
-            if (sort != SORT_I && parameters[P_CODING] == 1) {
+            if (sort != SORT_I && work.par[P_CODING] == 1) {
                 writer.code(E_SKIP, isSkipped(mb) ? 1 : 0, 1);
             } else if (isSkipped(mb)) {
                 writer.run++;
@@ -5569,14 +5572,14 @@ public final class VideoSuite {
         }
 
         private void writeMotion(int mb) {
-            int sort = head.v[Header.SORT];
+            int sort = work.head.v[Header.SORT];
             int type = work.info[8 * mb + Work.TYPE];
             if (work.info[8 * mb + Work.KIND] != BY_LISTS || type < 0 || sort == SORT_B && type == 0) {
                 return;
             }
             work.plan(sort, type);
             for (int list = 0; list < 2; list++) {
-                int n = head.v[Header.N0 + list];
+                int n = work.head.v[Header.N0 + list];
                 for (int g = 0; g < work.groups && n > 1; g++) {
                     if ((work.group[4 * g + 3] >> list & 1) == 1) {
                         int piece = 16 * mb + work.group[4 * g];
