@@ -12,6 +12,11 @@ public final class DecodeTest {
         mendByBefore();
         mendFromSides();
         mendByVector();
+        mendDown();
+        noEntries();
+        directBySpace();
+        directByTime();
+        directOfOtherSize();
         newPictures();
         outOrder();
         dropAndLong();
@@ -412,6 +417,140 @@ public final class DecodeTest {
         Check.due("P10 chroma", v.sample(1, 1, 8 + 4, 3), v.sample(0, 1, 8 + 4 - 3, 4));
     }
 
+    /** VECTORS that go down, and a PICTURE that differs from row to row. */
+    private static void mendDown() {
+        Streams s = new Streams().size(2, 1).sets();
+        Bits d = s.head(5, 2).bits();
+        for (int mb = 0; mb < 2; mb++) {
+            d.ue(25).align(0);
+            for (int i = 0; i < 384; i++) {
+                d.u(8, i < 256 ? 10 * (i / 16) + i % 16 : i / 8 % 8 * 20);
+            }
+        }
+        s.add(s.head(5, 2).unit(d));
+        Streams.Head h = s.head(1, 0).at(1, 2);
+        VideoSuite v = decoded(s.add(h.unit(h.bits().ue(0).ue(1).se(0).se(2).se(0).se(11).ue(0))));
+        v.repair(3);
+        v.flush();
+        Check.due("P10 rounded to whole samples, down", v.sample(1, 0, 16 + 4, 6), 10 * 9 + 4);
+        Check.due("P10 of chroma", v.sample(1, 2, 8 + 4, 3), 20 * 5);
+    }
+
+    private static void noEntries() {
+        Streams s = new Streams().sets().add(s1().ref(0).raw(1, 1, 1));
+        Streams.Head h = s.head(1, 0).at(0, 2);
+        VideoSuite v = decoded(s.add(h.skipped(1)));
+        Check.due("P24 SKIPPED without entry 0", v.fault(0, 2), 4);
+        Check.due("P24 at the run", v.fault(0, 1), h.bits().length());
+        Check.due("P18 it isn't there", v.block(0, 0), -1);
+        h = s.head(1, 1).at(0, 2);
+        v = decoded(new Streams().sets().add(s1().ref(0).raw(1, 1, 1)).add(h.skipped(1)));
+        Check.due("P24 DIRECT without entry 0 of list 1", v.fault(0, 2), 4);
+        h = s.head(1, 1).at(0, 2);
+        v = decoded(new Streams().sets().add(s1().ref(0).raw(1, 1, 1)).add(h.unit(h.bits().ue(0).ue(0).ue(0))));
+        Check.due("P24 DIRECT by its type", v.fault(0, 1), h.bits().length() + 1);
+    }
+
+    private static Streams.Head s1() {
+        return new Streams().head(5, 2);
+    }
+
+    /** 2 by 1: OWN, P with a VECTOR in its second BLOCK, then B: what the second BLOCK's DIRECT is. */
+    private static VideoSuite direct(int x, int y, int isLong, int space, int both) {
+        Streams s = new Streams().size(2, 1);
+        s.lowBits = 8;
+        s.refs = 2;
+        s.both = both;
+        s.sets().add(s0(s).raw(90, 80, 70, 90, 80, 70));
+        Streams.Head p = s.head(1, 0).at(1, 16);
+        if (isLong == 1) {
+            p.ops(4, 1, 6, 0);
+        }
+        s.add(p.unit(p.bits().ue(1).ue(0).se(x).se(y).ue(0)));
+        Streams.Head b = s.head(1, 1).at(2, 4).ref(0);
+        b.space = space;
+        // the first BLOCK: both lists, VECTORS 12 -8 and 4 4; the second one SKIPPED
+        Bits d = b.bits().ue(0).ue(3).se(12).se(-8).se(4).se(4).ue(0).ue(1);
+        return decoded(s.add(b.unit(d)));
+    }
+
+    private static Streams.Head s0(Streams s) {
+        return s.head(5, 2);
+    }
+
+    private static void moves(String what, VideoSuite v, int... due) {
+        Check.due(what + " FAULTS", v.count(4), 0);
+        for (int i = 0; i < 6; i++) {
+            for (int b = 0; b < 16; b++) {
+                Check.due(what + " piece " + b + " list " + i / 3 + " what " + i % 3, v.vector(1, b, i / 3, i % 3), due[i]);
+            }
+        }
+    }
+
+    private static void directBySpace() {
+        moves("P19 STILL", direct(0, 0, 0, 1, 0), 0, 0, 0, 0, 0, 0);
+        moves("P19 STILL", direct(1, -1, 0, 1, 0), 0, 0, 0, 0, 0, 0);
+        moves("P19 STILL", direct(-1, 1, 0, 1, 0), 0, 0, 0, 0, 0, 0);
+        moves("P19 x too far", direct(2, 0, 0, 1, 0), 12, -8, 0, 4, 4, 0);
+        moves("P19 x too far", direct(-2, 0, 0, 1, 0), 12, -8, 0, 4, 4, 0);
+        moves("P19 y too far", direct(0, 2, 0, 1, 0), 12, -8, 0, 4, 4, 0);
+        moves("P19 y too far", direct(0, -2, 0, 1, 0), 12, -8, 0, 4, 4, 0);
+        moves("P19 a LONG one", direct(0, 0, 1, 1, 0), 12, -8, 0, 4, 4, 0);
+    }
+
+    private static void directByTime() {
+        // tb 4, td 16: k 64
+        moves("P19 by time", direct(40, -21, 0, 0, 0), 10, -5, 0, 10 - 40, -5 + 21, 0);
+        moves("P19 by time", direct(-3, 7, 0, 0, 0), -3 * 64 + 128 >> 8, 7 * 64 + 128 >> 8, 0,
+                (-3 * 64 + 128 >> 8) + 3, (7 * 64 + 128 >> 8) - 7, 0);
+        VideoSuite v = direct(40, -21, 0, 0, 0);
+        Check.due("P18 SKIPPED", v.block(1, 1), -1);
+        Check.due("P18 by lists", v.block(1, 0), 3);
+        // of the LONG one all are: the P is entry 0 of list 1 still
+        v = direct(40, -21, 1, 0, 0);
+        moves("P19 by time to a SHORT one", v, 10, -5, 0, -30, 16, 0);
+        Streams s = new Streams().size(2, 1);
+        s.lowBits = 8;
+        s.refs = 2;
+        s.both = 2;
+        Streams.Head own = s.sets().head(5, 2);
+        own.isLong = 1;
+        Streams.Head p = s.add(own.raw(90, 80, 70, 90, 80, 70)).head(1, 0).at(1, 16);
+        s.add(p.unit(p.bits().ue(0).ue(0).se(40).se(-21).ue(0).ue(1)));
+        Streams.Head b = s.head(1, 1).at(2, 4).ref(0).n(2, 1).moves(1, 0, 0);
+        b.space = 0;
+        v = s.add(b.skipped(2)).object();
+        v.decode(400);
+        Check.due("P23 list 0", v.entry(0, 1), 0);
+        int[] due = {40, -21, 1, 0, 0, 0};
+        for (int i = 0; i < 6; i++) {
+            Check.due("P19 that picture LONG: whole, what " + i, v.vector(0, 7, i / 3, i % 3), due[i]);
+        }
+    }
+
+    /** OWN of REF 0 leaves references of another size in the lists. */
+    private static void directOfOtherSize() {
+        Streams s = new Streams();
+        s.lowBits = 8;
+        s.refs = 2;
+        s.sets().add(s.head(5, 2).raw(9, 9, 9)).add(s.head(1, 0).at(1, 8).skipped(1));
+        s.size(2, 1);
+        Streams.Head own = s.head(5, 2).ref(0);
+        own.ownId = 1;
+        s.sets().add(own.raw(5, 5, 5, 6, 6, 6));
+        Streams.Head b = s.head(1, 1).at(1, 4).ref(0);
+        b.space = 0;
+        Streams.Head c = s.head(1, 1).at(1, 4).ref(0);
+        VideoSuite v = flushed(s.add(b.skipped(2)));
+        Check.due("P24 no FAULTS", v.count(4), 0);
+        Check.due("P19 no such BLOCK: reference 0", v.vector(1, 0, 0, 2), 0);
+        Check.due("P19 of both", v.vector(1, 0, 1, 2), 0);
+        Check.due("P14 outside it the nearest", v.sample(v.count(3) - 1, 0, 31, 15), 9);
+        Check.due("P13 width", v.picture(v.count(3) - 1, 0), 32);
+        v = flushed(s.add(c.skipped(2)));
+        Check.due("P24 no FAULTS", v.count(4), 0);
+    }
+
     private static void newPictures() {
         Streams s = new Streams().size(2, 1).sets();
         s.refs = 1;
@@ -433,6 +572,17 @@ public final class DecodeTest {
         v = decoded(new Streams().size(2, 1).sets().add(s0().raw(1, 1, 1)).add(h.raw(2, 2, 2)));
         Check.due("P11 REF of not 0 is the same", v.flush(), 1);
         Check.due("P13 REF of the first SLICE", v.picture(0, 4), 1);
+        v = decoded(new Streams().size(2, 1).sets().add(s0().raw(1, 1, 1, 1, 1, 1)).add(s.head(1, 2).at(1, 2).ref(0)
+                .raw(1, 1, 1)).add(s.head(1, 2).at(0, 2).ref(0).from(1).raw(2, 2, 2)));
+        Check.due("P11 another FRAME", v.flush(), 3);
+        Streams two = new Streams().size(2, 1).sets();
+        h = s.head(5, 2).from(1);
+        h.pars = 2;
+        v = decoded(two.add(two.parameters(2, 0)).add(s0().raw(1, 1, 1)).add(h.raw(2, 2, 2)));
+        Check.due("P11 other PARAMETERS", v.flush(), 2);
+        h = s.head(1, 2).from(1);
+        v = decoded(new Streams().size(2, 1).sets().add(s0().raw(1, 1, 1)).add(h.raw(2, 2, 2)));
+        Check.due("P11 another TYPE", v.flush(), 2);
         h = s.head(5, 2).from(0);
         v = decoded(new Streams().size(2, 1).sets().add(s0().raw(1, 1, 1)).add(h.raw(2, 2, 2)));
         Check.due("P11 first 0", v.flush(), 2);

@@ -9,7 +9,7 @@ import java.util.Random;
  * answered when the other tests and the standard's decoder agreed. With an argument it prints them.
  */
 public final class GoldenTest {
-    private static final int RUNS = 80;
+    private static final int RUNS = 160;
     private Random chance;
     private VideoSuite v;
     private long fold;
@@ -82,12 +82,16 @@ public final class GoldenTest {
 
     private void paintAndEncode() {
         call(() -> v.paint(1, draw(-6, 6), draw(-6, 6), draw(0, 255)));
-        for (int i = draw(3, 6); i > 0; i--) {
-            if (draw(0, 2) == 0) {
+        boolean isFlat = draw(0, 2) == 0;
+        if (isFlat) {
+            call(() -> v.paint(0, draw(0, 255), draw(0, 255), draw(0, 255)));
+        }
+        for (int i = draw(3, 9); i > 0; i--) {
+            if (isFlat || draw(0, 2) == 0) {
                 call(() -> v.paint(4, draw(0, 40), draw(0, 24), draw(0, 255)));
             }
             call(() -> v.paint(3, draw(-2, 2), draw(-2, 2), 0));
-            int noise = draw(1, 40);
+            int noise = isFlat ? draw(1, 3) : draw(1, 40);
             call(() -> v.paint(2, noise, noise / 2, chance.nextInt()));
             call(v::encode);
         }

@@ -199,6 +199,9 @@ public final class StreamTest {
         Check.due("P5 STOP", v.unit(2, 4), 23);
         Check.due("P5 PAYLOAD, 3 without 0", v.unit(3, 3), 3);
         Check.due("P5 STOP", v.unit(3, 4), 15);
+        VideoSuite w = split(1, 3, 0, 3, 1, 5, 0, 0, 2, 0, 3);
+        Check.due("P5 PAYLOAD, 3 behind one 0", w.unit(0, 3), 3);
+        Check.due("P5 PAYLOAD, 3 behind 0 0 2 0", w.unit(1, 3), 5);
     }
 
     private static void loseUnits() {
