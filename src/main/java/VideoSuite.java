@@ -4139,10 +4139,10 @@ public final class VideoSuite {
             v[Header.FRAME_PLACE] = reader.place;
             v[Header.FRAME] = reader.fixed(0, s[S_FRAME]);
             if (type == 5) {
-                if (v[Header.FRAME] != 0) {
-                    reader.fail(OUT, reader.begin);
-                }
                 v[Header.OWN_ID] = unsigned(65535);
+                if (v[Header.FRAME] != 0) {
+                    reader.fail(OUT, v[Header.FRAME_PLACE]);
+                }
             }
             readOrder(s, p);
             if (v[Header.SORT] != SORT_I) {
@@ -4652,6 +4652,8 @@ public final class VideoSuite {
         static final int INPUT = 9;
         static final int SPARE = 6;
         static final int NEVER = 2147483647;
+        /** Beside the kinds of BLOCKS: whose modes are drawn. */
+        static final int COLOURS = -1;
         /** What stands where in choice, behind the best of each list: cost, kind, type or mode, FOUR's modes. */
         static final int COST = 10;
         static final int CHOSEN = 11;
@@ -5105,9 +5107,13 @@ public final class VideoSuite {
         }
 
         private static boolean mayBe(int kind, int mode, int sides) {
+            if (kind == COLOURS) {
+                return Work.mayBeColours(mode, sides);
+            }
             return kind == FOUR ? Work.mayBeFour(mode, sides) : Work.mayBeSixteen(mode, sides);
         }
 
+        /** One of the modes (of FOUR, of SIXTEEN, or colours') that may be. */
         private int drawMode(int kind, int most, int sides) {
             int n = 0;
             for (int mode = 0; mode < most; mode++) {
@@ -5115,28 +5121,9 @@ public final class VideoSuite {
             }
             int k = draw(n);
             for (int mode = 0; mode < most; mode++) {
-                if (mayBe(kind, mode, sides)) {
-                    if (k == 0) {
-                        return mode;
-                    }
-                    k--;
-                }
-            }
-            return 2;
-        }
-
-        private int drawColours(int sides) {
-            int n = 0;
-            for (int mode = 0; mode < 4; mode++) {
-                n += Work.mayBeColours(mode, sides) ? 1 : 0;
-            }
-            int k = draw(n);
-            for (int mode = 0; mode < 4; mode++) {
-                if (Work.mayBeColours(mode, sides)) {
-                    if (k == 0) {
-                        return mode;
-                    }
-                    k--;
+                k -= mayBe(kind, mode, sides) ? 1 : 0;
+                if (k < 0) {
+                    return mode;
                 }
             }
             return 0;
@@ -5157,13 +5144,13 @@ public final class VideoSuite {
             if (t == 1 || sort == SORT_I && t < 8) {
                 work.info[at + Work.KIND] = SIXTEEN;
                 Arrays.fill(work.mode, 16 * mb, 16 * mb + 16, drawMode(SIXTEEN, 4, sides));
-                work.info[at + Work.COLOURS] = drawColours(sides);
+                work.info[at + Work.COLOURS] = drawMode(COLOURS, 4, sides);
             } else if (t == 2 || sort == SORT_I) {
                 work.info[at + Work.KIND] = FOUR;
                 for (int b = 0; b < 16; b++) {
                     work.mode[16 * mb + b] = drawMode(FOUR, 9, Work.sidesOf(b, sides));
                 }
-                work.info[at + Work.COLOURS] = drawColours(sides);
+                work.info[at + Work.COLOURS] = drawMode(COLOURS, 4, sides);
             } else {
                 work.info[at + Work.KIND] = BY_LISTS;
                 int type;

@@ -58,6 +58,7 @@ public final class RobustTest {
                 for (int i = 0; i < 6; i++) {
                     ask(v);
                 }
+                emptyWhereMissing(v);
             }
             v.flush();
             long missing = 0;
@@ -70,6 +71,31 @@ public final class RobustTest {
                 int kind = v.fault(i, 2);
                 Check.due("a FAULT's kind", kind >= 1 && kind <= 4 ? 1 : 0, 1);
                 Check.due("a FAULT's place", v.fault(i, 1) >= 0 ? 1 : 0, 1);
+            }
+        }
+    }
+
+    private static Check.Call kind(VideoSuite v, int mb) {
+        return () -> v.block(mb, 0);
+    }
+
+    /** A BLOCK that isn't there, also one in which a FAULT was met, tells nothing. */
+    private static void emptyWhereMissing(VideoSuite v) {
+        for (int mb = 0; mb < 9 && v.count(6) == 1 && Check.told(kind(v, mb)) != -1000002; mb++) {
+            if (v.block(mb, 0) >= 0) {
+                continue;
+            }
+            int[] due = {-1, -1, 0, 0, 0, 0, -1};
+            for (int what = 0; what < 7; what++) {
+                Check.due("P18 missing, what " + what, v.block(mb, what), due[what]);
+            }
+            for (int b = 0; b < 16; b++) {
+                Check.due("P18 missing, its mode", v.block(mb, 8 + b), 2);
+                Check.due("P19 missing", v.vector(mb, b, b % 2, 2), -1);
+                Check.due("P19 missing", v.vector(mb, b, b % 2, b / 8), 0);
+            }
+            for (int b = 0; b < 27; b++) {
+                Check.due("P20 missing", v.level(mb, b, b % 16), 0);
             }
         }
     }

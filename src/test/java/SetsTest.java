@@ -231,12 +231,12 @@ public final class SetsTest {
         String[] texts = {
             text(new Bits().ue(4).ue(7).ue(0)), text(new Bits().ue(0).ue(0)), text(new Bits().ue(0).ue(3)),
             text(new Bits().ue(0).ue(9)), text(new Bits().ue(0).ue(10)), text(new Bits().ue(0).ue(2).ue(4)),
-            text(new Bits().ue(0).ue(2).ue(1)), text(new Bits().ue(0).ue(2).ue(0).u(4, 1)),
+            text(new Bits().ue(0).ue(2).ue(1)), text(new Bits().ue(0).ue(2).ue(0).u(4, 1).ue(0)),
             text(new Bits().ue(0).ue(2).ue(0).u(4, 0).ue(65536)),
         };
         int[] places = {0, 1, 1, 1, 1, 4, 4, 5, 9};
         int[] kinds = {2, 2, 2, 2, 2, 2, 3, 2, 2};
-        int[] elements = {3, 2, 2, 2, 1, 2, 3, 4, 4};
+        int[] elements = {3, 2, 2, 2, 1, 2, 3, 5, 4};
         for (int i = 0; i < texts.length; i++) {
             Streams t = new Streams().size(2, 2).sets();
             t.add(new Bits().put(texts[i]).u(40, 0).unit(0x65));
