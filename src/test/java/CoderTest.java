@@ -1,3 +1,5 @@
+import java.util.function.Supplier;
+
 /** Promises 26 to 33: SETTINGS, OPEN, INPUT, PICTURES coded and taken. */
 public final class CoderTest {
     public static void main(String[] args) {
@@ -153,22 +155,29 @@ public final class CoderTest {
         return v;
     }
 
-    /** The INPUT as RAW tells it. */
-    private static int[][] input(VideoSuite v, int wide, int high) {
-        v.encode();
-        v.take();
-        v.decode(400);
-        int k = v.flush() - 1;
-        int[][] planes = new int[3][];
-        for (int p = 0; p < 3; p++) {
-            int w = p == 0 ? wide : wide / 2;
-            int h = p == 0 ? high : high / 2;
-            planes[p] = new int[w * h];
-            for (int i = 0; i < w * h; i++) {
-                planes[p][i] = v.sample(k, p, i % w, i / w);
-            }
+    /** The INPUT as RAW tells it, of objects that are made and painted so. */
+    private static int[][] input(Supplier<VideoSuite> make) {
+        return Planes.of(() -> {
+            VideoSuite v = make.get();
+            v.encode();
+            v.take();
+            v.decode(400);
+            v.flush();
+            return v;
+        }, 0, 32, 16);
+    }
+
+    /** An object that codes RAW ones alone, painted so: how, a, b, c again and again. */
+    private static VideoSuite painted(int... calls) {
+        VideoSuite v = open(RAW);
+        for (int i = 0; i < calls.length; i += 4) {
+            v.paint(calls[i], calls[i + 1], calls[i + 2], calls[i + 3]);
         }
-        return planes;
+        return v;
+    }
+
+    private static void input(String what, int[][] due, int... calls) {
+        same(what, input(() -> painted(calls)), due);
     }
 
     private static int sum(int[] row) {
@@ -197,25 +206,23 @@ public final class CoderTest {
     }
 
     private static void paintFlat() {
-        VideoSuite v = open(RAW);
         int[][] due = planes(32, 16);
         for (int[] row : due) {
             java.util.Arrays.fill(row, 128);
         }
-        same("P27 INPUT is 128", input(v, 32, 16), due);
-        VideoSuite w = open(RAW);
+        input("P27 INPUT is 128", due);
         java.util.Arrays.fill(due[0], 255);
         java.util.Arrays.fill(due[1], 1);
         java.util.Arrays.fill(due[2], 0);
+        VideoSuite w = open(RAW);
         Check.due("P28 how 0", w.paint(0, -1, 257, 512), sum(due[0]));
-        same("P28 how 0", input(w, 32, 16), due);
+        input("P28 how 0", due, 0, -1, 257, 512);
         w.open();
         java.util.Arrays.fill(due[0], 128);
         Check.due("P27 INPUT is 128 again", w.paint(4, 100, 100, 3), sum(due[0]));
     }
 
     private static void paintSlope() {
-        VideoSuite v = open(RAW);
         int[][] due = planes(32, 16);
         for (int p = 0; p < 3; p++) {
             int w = p == 0 ? 32 : 16;
@@ -224,8 +231,8 @@ public final class CoderTest {
                 due[p][i] = (7 * unit * (i % w) - 5 * unit * (i / w) + 300 & 255) + 40 * p & 255;
             }
         }
-        Check.due("P28 how 1", v.paint(1, 7, -5, 300), sum(due[0]));
-        same("P28 how 1", input(v, 32, 16), due);
+        Check.due("P28 how 1", open(RAW).paint(1, 7, -5, 300), sum(due[0]));
+        input("P28 how 1", due, 1, 7, -5, 300);
     }
 
     private static void noise(int[][] due, int a, int b, int c) {
@@ -247,9 +254,10 @@ public final class CoderTest {
         }
         noise(due, 256, 100, -7);
         Check.due("P28 how 2, 0 as 256", v.paint(2, 256, 100, -7), sum(due[0]));
+        input("P28 how 2, 0 as 256", due, 2, 256, 100, -7);
         noise(due, 300, -250, 9);
         Check.due("P28 how 2", v.paint(2, 300, -250, 9), sum(due[0]));
-        same("P28 how 2", input(v, 32, 16), due);
+        input("P28 how 2", due, 2, 256, 100, -7, 2, 300, -250, 9);
     }
 
     private static int[] moved(int[] row, int w, int a, int b) {
@@ -267,22 +275,16 @@ public final class CoderTest {
 
     private static void paintMoved() {
         int[][] by = {{3, -2}, {-5, 1}, {Integer.MIN_VALUE, 0}, {0, Integer.MIN_VALUE}, {100, 100}, {0, 0}};
+        int[][] start = input(() -> painted(1, 7, 3, 1));
         for (int[] k : by) {
-            VideoSuite v = open(RAW);
-            v.paint(1, 7, 3, 1);
-            int[][] start = input(v, 32, 16);
-            v = open(RAW);
-            v.paint(1, 7, 3, 1);
             int[][] due = {moved(start[0], 32, k[0], k[1]), moved(start[1], 16, k[0] / 2, k[1] / 2),
                 moved(start[2], 16, k[0] / 2, k[1] / 2)};
-            Check.due("P28 how 3", v.paint(3, k[0], k[1], 5), sum(due[0]));
-            same("P28 how 3 by " + k[0] + ", " + k[1], input(v, 32, 16), due);
+            Check.due("P28 how 3", painted(1, 7, 3, 1).paint(3, k[0], k[1], 5), sum(due[0]));
+            input("P28 how 3 by " + k[0] + ", " + k[1], due, 1, 7, 3, 1, 3, k[0], k[1], 5);
         }
     }
 
     private static void paintSquare() {
-        VideoSuite v = open(RAW);
-        v.paint(0, 1, 2, 3);
         int[][] due = planes(32, 16);
         java.util.Arrays.fill(due[0], 1);
         java.util.Arrays.fill(due[1], 2);
@@ -292,8 +294,8 @@ public final class CoderTest {
                 due[0][32 * y + x] = 200;
             }
         }
-        Check.due("P28 how 4", v.paint(4, 27 + 128, 11 - 128, 200 + 256), sum(due[0]));
-        same("P28 how 4", input(v, 32, 16), due);
+        Check.due("P28 how 4", painted(0, 1, 2, 3).paint(4, 27 + 128, 11 - 128, 200 + 256), sum(due[0]));
+        input("P28 how 4", due, 0, 1, 2, 3, 4, 27 + 128, 11 - 128, 200 + 256);
     }
 
     private static void paintRefused() {

@@ -127,7 +127,7 @@ public final class GoldenTest {
             int w = what;
             call(() -> v.count(w));
         }
-        while (calls < 500) {
+        while (calls < 480) {
             ask();
         }
     }

@@ -1,52 +1,77 @@
 import java.math.BigInteger;
+import java.util.Random;
 
 /** Promises 38 to 41: measures of OUTPUTS, and what is counted. */
 public final class MeasureTest {
     public static void main(String[] args) {
-        VideoSuite v = pictures();
-        squares(v);
-        indexes(v);
-        qualityWrong(v);
-        scales(v);
-        histograms(v);
+        stream = streams();
+        squares(pictures());
+        indexes(pictures());
+        qualityWrong(pictures());
+        scales(pictures());
+        histograms(pictures());
         counts();
         Check.end();
     }
 
-    /** OUTPUTS 0 and 1 of 32 by 32 with noise, 2 of 30 by 32. */
+    private static Streams stream;
+    /** The OUTPUTS' planes: noise, the same moved with less noise, and one of other size. */
+    private static int[][] noisy;
+    private static int[][] moved;
+    private static int[][] narrow;
+
     private static VideoSuite pictures() {
-        VideoSuite c = new VideoSuite();
-        c.setting(17, 1);
-        c.open();
-        c.paint(2, 0, 100, 5);
-        c.encode();
-        c.paint(3, 1, 0, 0);
-        c.paint(2, 20, 10, 6);
-        c.encode();
-        Streams s = new Streams();
-        for (int k = 0; k < c.take(); k++) {
-            byte[] unit = new byte[c.unit(k, 2)];
-            for (int i = 0; i < unit.length; i++) {
-                unit[i] = (byte) c.unitByte(k, i);
-            }
-            s.add(unit);
-        }
-        c.decode(400);
-        Streams t = new Streams().size(2, 2);
-        t.crop = new int[] {0, 1, 0, 0};
-        t.sets().add(t.head(5, 2).raw(1, 1, 1, 2, 2, 2, 3, 3, 3, 4, 4, 4));
-        byte[] more = t.bytes.toByteArray();
-        s.bytes.write(more, 0, more.length);
-        VideoSuite v = s.object();
+        VideoSuite v = stream.object();
         v.decode(400);
         Check.due("three OUTPUTS", v.flush(), 3);
         return v;
     }
 
+    /** RAW BLOCKS tell samples as they are. */
+    private static Streams streams() {
+        Random chance = new Random(5);
+        noisy = new int[][] {new int[1024], new int[256], new int[256]};
+        moved = new int[][] {new int[1024], new int[256], new int[256]};
+        narrow = new int[][] {new int[960], new int[240], new int[240]};
+        for (int p = 0; p < 3; p++) {
+            int w = p == 0 ? 32 : 16;
+            for (int i = 0; i < w * w; i++) {
+                noisy[p][i] = chance.nextInt(256);
+                int near = noisy[p][i % w > 0 ? i - 1 : i] + chance.nextInt(20) - 10;
+                moved[p][i] = Math.max(0, Math.min(255, near));
+                int n = w - (p == 0 ? 2 : 1);
+                if (i % w < n) {
+                    narrow[p][i / w * n + i % w] = 1 + i / w / (w / 2) * 2 + i % w / (w / 2);
+                }
+            }
+        }
+        Streams s = new Streams().size(2, 2).sets();
+        s.add(raw(s, noisy, 0)).add(raw(s, moved, 1));
+        s.crop = new int[] {0, 1, 0, 0};
+        return s.sets().add(s.head(5, 2).raw(1, 1, 1, 2, 2, 2, 3, 3, 3, 4, 4, 4));
+    }
+
+    private static byte[] raw(Streams s, int[][] planes, int id) {
+        Streams.Head h = s.head(5, 2);
+        h.ownId = id;
+        Bits d = h.bits();
+        for (int mb = 0; mb < 4; mb++) {
+            d.ue(25).align(0);
+            for (int i = 0; i < 384; i++) {
+                int p = i < 256 ? 0 : i < 320 ? 1 : 2;
+                int n = p == 0 ? 16 : 8;
+                int x = mb % 2 * n + i % n;
+                int y = mb / 2 * n + i / n % n;
+                d.u(8, planes[p][y * 2 * n + x]);
+            }
+        }
+        return h.unit(d);
+    }
+
     private static void squares(VideoSuite v) {
         long sum = 0;
         for (int i = 0; i < 1024; i++) {
-            long d = v.sample(0, 0, i % 32, i / 32) - v.sample(1, 0, i % 32, i / 32);
+            long d = noisy[0][i] - moved[0][i];
             sum += d * d;
         }
         Check.due("P38 squares", v.quality(0, 1, 0, -5, 99), sum);
@@ -54,15 +79,15 @@ public final class MeasureTest {
         Check.due("P38 squares of the same", v.quality(1, 1, 0, 0, 0), 0);
     }
 
-    private static BigInteger[] index(VideoSuite v, int k, int j, int x, int y) {
+    private static BigInteger[] index(int x, int y) {
         long a = 0;
         long b = 0;
         long p = 0;
         long q = 0;
         long r = 0;
         for (int i = 0; i < 64; i++) {
-            long s = v.sample(k, 0, x + i % 8, y + i / 8);
-            long t = v.sample(j, 0, x + i % 8, y + i / 8);
+            long s = noisy[0][32 * (y + i / 8) + x + i % 8];
+            long t = moved[0][32 * (y + i / 8) + x + i % 8];
             a += s;
             b += t;
             p += s * s;
@@ -82,7 +107,7 @@ public final class MeasureTest {
         for (int i = 0; i < 49; i++) {
             int x = i % 7 * 4;
             int y = i / 7 * 4;
-            BigInteger[] due = index(v, 0, 1, x, y);
+            BigInteger[] due = index(x, y);
             Check.due("P38 upper at " + x + ", " + y, v.quality(0, 1, 1, x, y), due[0].longValueExact());
             Check.due("P38 lower at " + x + ", " + y, v.quality(0, 1, 2, x, y), due[1].longValueExact());
             negative += due[0].signum() < 0 ? 1 : 0;
@@ -109,11 +134,11 @@ public final class MeasureTest {
         Check.missing("P38 x, y before REFUSED", () -> v.quality(2, 0, 1, 24, 24));
     }
 
-    private static long mean(VideoSuite v, int k, int p, int wide, int high, int[] to, int x, int y) {
+    private static long mean(int[] row, int wide, int high, int[] to, int x, int y) {
         long sum = 0;
         for (int j = y * high; j < (y + 1) * high; j++) {
             for (int i = x * wide; i < (x + 1) * wide; i++) {
-                sum += v.sample(k, p, i / to[0], j / to[1]);
+                sum += row[j / to[1] * wide + i / to[0]];
             }
         }
         long area = (long) wide * high;
@@ -128,10 +153,10 @@ public final class MeasureTest {
                 int x = to[0] * n / 6;
                 int y = to[1] * (5 - n) / 6;
                 Check.due("P39 scale to " + to[0] + " by " + to[1], v.scale(0, p, to[0], to[1], x, y),
-                        mean(v, 0, p, p == 0 ? 32 : 16, p == 0 ? 32 : 16, to, x, y));
+                        mean(noisy[p], p == 0 ? 32 : 16, p == 0 ? 32 : 16, to, x, y));
             }
             Check.due("P39 of 30 by 32", v.scale(2, 0, to[0], to[1], to[0] - 1, to[1] - 1),
-                    mean(v, 2, 0, 30, 32, to, to[0] - 1, to[1] - 1));
+                    mean(narrow[0], 30, 32, to, to[0] - 1, to[1] - 1));
         }
         Check.due("P39 halves up", v.scale(2, 1, 1, 1, 0, 0), (1 * 64 + 2 * 56 + 3 * 64 + 4 * 56 + 120) / 240);
         int[][] bad = {{0, 1, 0, 0}, {1, 0, 0, 0}, {257, 1, 0, 0}, {1, 257, 0, 0}, {4, 4, 4, 0}, {4, 4, 0, 4},
@@ -149,9 +174,8 @@ public final class MeasureTest {
     private static void histograms(VideoSuite v) {
         for (int p = 0; p < 3; p++) {
             int[] n = new int[256];
-            int w = p == 0 ? 32 : 16;
-            for (int i = 0; i < w * w; i++) {
-                n[v.sample(0, p, i % w, i / w)]++;
+            for (int x : noisy[p]) {
+                n[x]++;
             }
             for (int x = 0; x < 256; x += 5) {
                 Check.due("P40 plane " + p + " value " + x, v.histogram(0, p, x), n[x]);
