@@ -591,6 +591,18 @@ public final class DecodeTest {
         h = s.head(5, 2).from(0);
         v = decoded(new Streams().size(2, 1).sets().add(s0().raw(1, 1, 1)).add(h.raw(2, 2, 2)));
         Check.due("P11 first 0", v.flush(), 2);
+        for (int i = 0; i < 3; i++) {
+            Streams k = new Streams().size(2, 1);
+            k.kind = 1;
+            k.same = 0;
+            k.pair = 1;
+            k.sets().add(k.head(5, 2).raw(1, 1, 1));
+            h = k.head(5, 2).from(1);
+            h.d0 = i == 1 ? 1 : 0;
+            h.d1 = i == 2 ? 1 : 0;
+            v = decoded(k.add(h.raw(2, 2, 2)));
+            Check.due("P11 another d0 or d1, " + i, v.flush(), i == 0 ? 1 : 2);
+        }
         Streams t = new Streams().size(2, 1).sets();
         v = decoded(t.add(s0().raw(1, 1, 1)).add(t.sequence(3)).add(s.head(5, 2).from(1).raw(2, 2, 2)));
         Check.due("P11 a SET between", v.flush(), 2);
@@ -722,6 +734,10 @@ public final class DecodeTest {
         sameText("P22 above REFS: the SHORT one", store(flushed(s)), "L1 S2");
         s.add(s.head(1, 2).at(3, 6).ops(3, 0, 0).raw(9, 9, 9));
         sameText("P22 above REFS: the LONG one of the least number", store(flushed(s)), "L1 S3");
+        s = many(2, 2);
+        s.add(s.head(1, 2).at(2, 4).ops(4, 2, 3, 1, 0).raw(9, 9, 9));
+        s.add(s.head(1, 2).at(3, 6).ops(3, 0, 1).raw(9, 9, 9));
+        sameText("P22 above REFS: the least number stored first", store(flushed(s)), "L1 S3");
         s = many(3, 2);
         s.add(s.head(1, 2).at(2, 4).ops(4, 1, 6, 0, 2, 0, 4, 0).raw(9, 9, 9));
         sameText("P22 ops behind a 6 leave it alone", store(flushed(s)), "S0 S1 L0");

@@ -10,6 +10,7 @@ import java.util.Random;
  */
 public final class GoldenTest {
     private static final int RUNS = 160;
+    private static final int FLIPPED = 8;
     private Random chance;
     private VideoSuite v;
     private long fold;
@@ -17,8 +18,8 @@ public final class GoldenTest {
 
     public static void main(String[] args) throws IOException {
         List<String> due = args.length > 0 ? null : Files.readAllLines(Paths.get("src/test/data/golden.txt"));
-        for (int seed = 0; seed < RUNS; seed++) {
-            long got = new GoldenTest().run(seed);
+        for (int seed = 0; seed < RUNS + FLIPPED; seed++) {
+            long got = seed < RUNS ? new GoldenTest().run(seed) : new GoldenTest().flips(seed - RUNS);
             if (due == null) {
                 System.out.println(got);
             } else {
@@ -62,6 +63,38 @@ public final class GoldenTest {
             breakStream();
         }
         decode();
+        return 1000003 * fold + calls;
+    }
+
+    /** A small stream, each bit of its last UNIT's first 160 turned once: the FAULTS and what is left. */
+    private long flips(int which) {
+        for (int bit = 8; bit < 168; bit++) {
+            v = new VideoSuite();
+            int[] set = {0, 2, 1, 1, 2, which % 2, 6, which / 2 % 2, 7, 2, 8, 1, 9, which * 31, 17, which == 7 ? 1 : 0};
+            for (int i = 0; i < set.length; i += 2) {
+                v.setting(set[i], set[i + 1]);
+            }
+            v.open();
+            v.paint(2, 90, 45, which);
+            for (int i = 0; i < 3 + which % 2; i++) {
+                v.encode();
+                v.paint(3, 1, 0, 0);
+            }
+            int last = v.take() - 1;
+            int at = bit;
+            v.repair(3);
+            call(() -> v.flip(last, at));
+            v.decode(400);
+            call(v::flush);
+            for (int i = 0; i < 3; i++) {
+                int what = i;
+                call(() -> v.fault(0, what));
+                call(() -> v.sum(v.count(3) - 1, what));
+            }
+            call(() -> v.slice(16));
+            call(() -> v.count(8));
+            call(() -> v.count(14));
+        }
         return 1000003 * fold + calls;
     }
 
