@@ -6,7 +6,7 @@ import java.util.Random;
 
 /**
  * Long runs of calls of all kinds, each folded into one number; src/test/data/golden.txt has those that were
- * answered when the other tests and the standard's decoder agreed. With an argument it prints them.
+ * answered by this program itself, as a guard against change. With an argument it prints them.
  */
 public final class GoldenTest {
     private static final int RUNS = 160;
