@@ -4139,10 +4139,10 @@ public final class VideoSuite {
             v[Header.FRAME_PLACE] = reader.place;
             v[Header.FRAME] = reader.fixed(0, s[S_FRAME]);
             if (type == 5) {
-                v[Header.OWN_ID] = unsigned(65535);
                 if (v[Header.FRAME] != 0) {
-                    reader.fail(OUT, v[Header.FRAME_PLACE]);
+                    reader.fail(OUT, reader.begin);
                 }
+                v[Header.OWN_ID] = unsigned(65535);
             }
             readOrder(s, p);
             if (v[Header.SORT] != SORT_I) {

@@ -236,7 +236,7 @@ public final class SetsTest {
         };
         int[] places = {0, 1, 1, 1, 1, 4, 4, 5, 9};
         int[] kinds = {2, 2, 2, 2, 2, 2, 3, 2, 2};
-        int[] elements = {3, 2, 2, 2, 1, 2, 3, 5, 4};
+        int[] elements = {3, 2, 2, 2, 1, 2, 3, 4, 4};
         for (int i = 0; i < texts.length; i++) {
             Streams t = new Streams().size(2, 2).sets();
             t.add(new Bits().put(texts[i]).u(40, 0).unit(0x65));
