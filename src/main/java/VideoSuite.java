@@ -1427,13 +1427,12 @@ public final class VideoSuite {
             unit[0] = (byte) first;
         }
 
-        /** STOP, if it isn't there yet, bits 0 up to a whole byte; the UNIT is MADE; answers its bytes. */
-        int endUnit(boolean isStopped) {
+        /** STOP, if it isn't there yet, bits 0 up to a whole byte; the UNIT is MADE. */
+        void endUnit(boolean isStopped) {
             if (!isStopped) {
                 put(1);
             }
             fill(0);
-            int begin = length + 4;
             putByte(0);
             putByte(0);
             putByte(0);
@@ -1449,7 +1448,6 @@ public final class VideoSuite {
                 zeros = v == 0 ? zeros + 1 : 0;
             }
             units++;
-            return length - begin;
         }
 
         private void putByte(int v) {
@@ -2543,8 +2541,8 @@ public final class VideoSuite {
         final int[] rule = new int[3 * MOST_BLOCKS];
         int sliceNumber;
         final int[] sub = new int[4];
-        /** Of each part that has a VECTOR: first piece, width, height, lists, group, way of GUESS. */
-        final int[] part = new int[16 * 6];
+        /** Of each part that has a VECTOR: first piece, width, height, lists, way of GUESS. */
+        final int[] part = new int[16 * 5];
         int parts;
         /** Of each part that has a reference: first piece, width, height, lists. */
         final int[] group = new int[4 * 4];
@@ -2780,13 +2778,12 @@ public final class VideoSuite {
 
         /** A part of the latest group. */
         private void addPart(int b, int wide, int high, int way) {
-            int at = 6 * parts;
+            int at = 5 * parts;
             part[at] = b;
             part[at + 1] = wide;
             part[at + 2] = high;
             part[at + 3] = group[4 * groups - 1];
-            part[at + 4] = groups - 1;
-            part[at + 5] = way;
+            part[at + 4] = way;
             parts++;
         }
 
@@ -2807,12 +2804,12 @@ public final class VideoSuite {
         }
 
         void setMove(int mb, int list, int p, int moveX, int moveY) {
-            int left = pieceX(part[6 * p]);
-            int top = pieceY(part[6 * p]);
+            int left = pieceX(part[5 * p]);
+            int top = pieceY(part[5 * p]);
             for (int b = 0; b < 16; b++) {
                 int x = pieceX(b) - left;
                 int y = pieceY(b) - top;
-                if (x >= 0 && x < part[6 * p + 1] && y >= 0 && y < part[6 * p + 2]) {
+                if (x >= 0 && x < part[5 * p + 1] && y >= 0 && y < part[5 * p + 2]) {
                     int at = 2 * Picture.at(list, 16 * mb + b);
                     pic.move[at] = moveX;
                     pic.move[at + 1] = moveY;
@@ -4512,12 +4509,12 @@ public final class VideoSuite {
         private void readVectors(int mb, int list) {
             for (int p = 0; p < work.parts; p++) {
                 int[] part = work.part;
-                int at = 6 * p;
+                int at = 5 * p;
                 if ((part[at + 3] >> list & 1) == 0) {
                     continue;
                 }
                 int r = work.pic.reference[Picture.at(list, 16 * mb + part[at])];
-                work.guess(mb, list, r, part[at], part[at + 1], part[at + 5]);
+                work.guess(mb, list, r, part[at], part[at + 1], part[at + 4]);
                 int x = work.guessX + reader.number(E_X, SE, -8192, 8191);
                 if (x < -2048 || x > 2047) {
                     reader.fail(OUT, reader.begin);
@@ -5216,12 +5213,12 @@ public final class VideoSuite {
         private void drawVectors(int mb, int list) {
             int[] part = work.part;
             for (int p = 0; p < work.parts; p++) {
-                int at = 6 * p;
+                int at = 5 * p;
                 if ((part[at + 3] >> list & 1) == 0) {
                     continue;
                 }
                 int r = work.pic.reference[Picture.at(list, 16 * mb + part[at])];
-                work.guess(mb, list, r, part[at], part[at + 1], part[at + 5]);
+                work.guess(mb, list, r, part[at], part[at + 1], part[at + 4]);
                 int x = clamp(-2048, 2047, work.guessX + draw(33) - 16);
                 int y = clamp(-2048, 2047, work.guessY + draw(33) - 16);
                 setVector(mb, list, p, x, y);
@@ -5576,7 +5573,7 @@ public final class VideoSuite {
             }
             for (int list = 0; list < 2; list++) {
                 for (int p = 0; p < work.parts; p++) {
-                    if ((work.part[6 * p + 3] >> list & 1) == 1) {
+                    if ((work.part[5 * p + 3] >> list & 1) == 1) {
                         writer.se(E_X, work.difference[2 * (16 * list + p)]);
                         writer.se(E_Y, work.difference[2 * (16 * list + p) + 1]);
                     }

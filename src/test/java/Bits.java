@@ -38,6 +38,10 @@ final class Bits {
         return bits.length();
     }
 
+    String toText() {
+        return bits.toString();
+    }
+
     /** A UNIT: the first byte, these bits, STOP, bits 0 up to a whole byte; a 3 behind two 0, where one is due. */
     byte[] unit(int first) {
         return new Bits().put(bits.toString()).u(1, 1).plain(first);

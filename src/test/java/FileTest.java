@@ -4,6 +4,7 @@ import java.io.ByteArrayOutputStream;
 public final class FileTest {
     public static void main(String[] args) {
         muxed();
+        muxedBytes();
         muxRefused();
         demuxed();
         otherFiles();
@@ -104,6 +105,48 @@ public final class FileTest {
             Check.due("P36 place of " + k, v.box(k, 1), places[k]);
             Check.due("P36 length of " + k, v.box(k, 2), lengths[k]);
             Check.due("P36 inside, " + k, v.box(k, 3), inside[k]);
+        }
+    }
+
+    /** The bytes of a file, as SPLIT shows them by each way. */
+    private static void muxedBytes() {
+        for (int n = 0; n < 5; n++) {
+            int[] sizes = new int[n];
+            for (int i = 0; i < n; i++) {
+                sizes[i] = 3 + 90 * i;
+            }
+            byte[] lengths = new byte[0];
+            byte[] media = new byte[0];
+            for (int i = 0; i < n; i++) {
+                byte[] unit = new byte[sizes[i]];
+                for (int k = 0; k < sizes[i]; k++) {
+                    unit[k] = (byte) (i == 0 ? 0x65 : i + k);
+                }
+                lengths = join(lengths, ints(4 + sizes[i]));
+                media = join(media, ints(sizes[i]), unit);
+            }
+            byte[] due = join(box("ftyp", "isom".getBytes(), new byte[] {0, 0, 2, 0}, "isomavc1".getBytes()),
+                    box("moov", box("mvhd", new byte[100]), box("trak", box("stsz", new byte[8], ints(n), lengths),
+                            box("stco", new byte[4], ints(1, 24 + 8 + 108 + 8 + 20 + 4 * n + 20 + 8)))), box("mdat", media));
+            for (int way = 0; way < 5; way++) {
+                VideoSuite v = units(sizes);
+                Check.due("P34 length of " + n, v.mux(), due.length);
+                VideoSuite w = new VideoSuite();
+                Streams.feed(w, due);
+                int k = way;
+                // what lies before a place is cut off by lengths that lead there, so each way shows other bytes
+                long got = Check.told(() -> v.split(k));
+                Check.due("P34 SPLIT by way " + way + " of " + n, got, Check.told(() -> w.split(k)));
+                for (int u = 0; got > 0 && u < v.count(1); u++) {
+                    int unit = u;
+                    Check.due("P34 way " + way + ", bytes of UNIT " + u, v.unit(u, 2), w.unit(u, 2));
+                    for (int i = 0; i < w.unit(u, 2) && i < 40; i++) {
+                        int at = i;
+                        Check.answers("P34 way " + way + ", byte " + i + " of UNIT " + u, w.unitByte(u, i),
+                                () -> v.unitByte(unit, at));
+                    }
+                }
+            }
         }
     }
 
@@ -285,6 +328,23 @@ public final class FileTest {
         Check.due("P37 the next one", v.buffer(7, 80), 1);
         Check.due("P37 size at most", v.buffer(1 << 30, 80), -1);
         Check.due("P37 nothing", v.buffer(0, 0), 0);
+        // TYPE 5 and 1 by turns, of 10 and 5 bytes
+        VideoSuite w = units(10, 5, 10, 5, 10);
+        for (int k = 1; k < 5; k++) {
+            for (int bit = 0; bit < 8; bit++) {
+                int due = (k % 2 == 0 ? 0x65 : 0x21) >> 7 - bit & 1;
+                if (w.flip(k, bit) != due) {
+                    w.flip(k, bit);
+                }
+            }
+        }
+        // 100: 20, 50 at 30 more, 10, 40, less than 80
+        Check.due("P37 rate comes in between", w.buffer(30, 100), 2);
+        Check.due("P37 just enough each time", w.buffer(60, 80), -1);
+        // 80: 0, 59, 19, 78, less than 80
+        Check.due("P37 one less each time", w.buffer(59, 80), 2);
+        Check.due("P37 just enough at last", w.buffer(50, 120), -1);
+        Check.due("P37 one less at last", w.buffer(49, 120), 4);
         Check.due("P37 most", v.buffer(1 << 30, 1 << 30), -1);
         Check.bad("P37 rate -1", () -> v.buffer(-1, 0));
         Check.bad("P37 size -1", () -> v.buffer(0, -1));

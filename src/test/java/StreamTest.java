@@ -10,6 +10,8 @@ public final class StreamTest {
         unitsTold();
         stopAndPayload();
         loseUnits();
+        loseOfSizes();
+        beyondTheTape();
         flipBits();
         Check.end();
     }
@@ -217,6 +219,57 @@ public final class StreamTest {
         Check.due("P7 nothing left to decode", v.decode(1), 0);
         v.anew();
         Check.due("P7 lose what is not decoded any more", v.lose(0), 0);
+    }
+
+    private static void loseOfSizes() {
+        for (int k = 0; k < 4; k++) {
+            VideoSuite v = split(1, 1, 10, 2, 11, 12, 3, 13, 14, 15, 4, 16, 17, 18, 19);
+            Check.due("P7 lose", v.lose(k), 3);
+            int[][] all = {{10}, {11, 12}, {13, 14, 15}, {16, 17, 18, 19}};
+            int[][] left = new int[3][];
+            for (int i = 0; i < 3; i++) {
+                left[i] = all[i < k ? i : i + 1];
+            }
+            told("P7 without UNIT " + k, v, left);
+            Check.due("P8 flip in one behind", v.flip(2, 0), 1);
+            Check.due("P6 its byte", v.unitByte(2, 0), left[2][0] | 128);
+            Check.missing("P6 no byte more", () -> v.unitByte(0, left[0].length));
+        }
+    }
+
+    /** What end() took away is not looked at. */
+    private static void beyondTheTape() {
+        int[][] tapes = {{0, 0, 1, 9}, {0, 0, 1, 7, 0, 0, 0}, {0, 0, 1, 7, 0, 0, 1}, {0, 0, 1, 7, 0, 0, 1, 8}};
+        int[] ends = {2, 6, 6, 7};
+        int[][][] due = {{}, {{7, 0, 0}}, {{7, 0, 0}}, {{7}}};
+        for (int i = 0; i < tapes.length; i++) {
+            VideoSuite v = new VideoSuite();
+            Streams.feed(v, Streams.bytes(tapes[i]));
+            v.end(ends[i]);
+            v.split(0);
+            told("P4 to the end of the TAPE, " + i, v, due[i]);
+        }
+        for (int way = 1; way <= 4; way++) {
+            VideoSuite v = new VideoSuite();
+            v.feed(0x00010101, 0x01010101, 0x01010101, 0, 0);
+            // all bytes of a length but one are there
+            int n = way - 1;
+            v.end(n);
+            int w = way;
+            if (n > 0) {
+                Check.refused("P4 half a length, way " + way, () -> v.split(w));
+            } else {
+                Check.due("P4 no length, way 1", v.split(1), 0);
+            }
+            VideoSuite u = new VideoSuite();
+            byte[] b = new byte[way + 3];
+            b[way - 1] = 3;
+            Streams.feed(u, b);
+            u.end(way + 2);
+            Check.refused("P4 one byte less than told, way " + way, () -> u.split(w));
+            Streams.feed(u, b);
+            Check.due("P4 as many as told, way " + way, u.split(way), 1);
+        }
     }
 
     private static void flipBits() {

@@ -256,6 +256,11 @@ final class Streams {
             }
         }
 
+        /** This HEADER, and DATA behind it by this coding. */
+        Data data() {
+            return new Data(bits(), s.coding == 1, sort == 2, lead());
+        }
+
         byte[] unit(Bits data) {
             return data.unit(lead());
         }
