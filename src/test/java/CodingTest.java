@@ -23,6 +23,10 @@ public final class CodingTest {
         colours128();
         finishKeepsOrder();
         openAnew();
+        openBehindLimits();
+        manySlices();
+        noiseOfOne();
+        emulation();
         Check.end();
     }
 
@@ -139,6 +143,9 @@ public final class CodingTest {
         boolean isDirect = t < 5 && gone == 0;
         int type = t < 5 ? (isDirect ? 0 : 1) : t < 12 ? 1 + draw(21) : 22;
         Check.due(what + ": type", v.block(0, 1), t == 3 && isDirect ? NONE : type);
+        if (type == 1) {
+            Check.due(what + ": not by list 1", v.vector(0, 15, 1, 2), -1);
+        }
         int n = first[type];
         int m = moves[type];
         for (int q = 0; q < 4 && type == 22; q++) {
@@ -190,7 +197,7 @@ public final class CodingTest {
 
     private static void drawnB() {
         int found = 0;
-        for (int seed = 0; seed < 100; seed++) {
+        for (int seed = 0; seed < 400; seed++) {
             VideoSuite v = open(0, 1, 1, 1, 9, seed * 99991, 2, seed & 1, 3, 20, 4, 30, 5, 33, 6, 1, 7, 2, 8, 1, 22, seed / 2 & 1);
             v.paint(2, 200, 100, seed);
             for (int i = 0; i < 5; i++) {
@@ -600,5 +607,98 @@ public final class CodingTest {
         v.take();
         v.decode(400);
         Check.due("P26 for the next OPEN", v.set(0, 0, 0), 1);
+    }
+
+    /** OPEN begins UNITS and PICTURES anew, not the BLOCKS ever coded; RESERVE is 0 again. */
+    private static void openBehindLimits() {
+        VideoSuite v = open(0, 1, 1, 1, 16, 100000);
+        for (int i = 0; i < 60; i++) {
+            v.encode();
+        }
+        Check.due("P33 RESERVE, four budgets", v.coded(59, 6), 400000);
+        v.open();
+        v.encode();
+        Check.due("P33 RESERVE behind OPEN", v.coded(0, 6), 100000 - v.coded(0, 0));
+        // 8 SLICES each: 40 PICTURES are 322 UNITS; 320 BLOCKS
+        VideoSuite w = open(0, 4, 1, 2, 11, 1, 3, 51, 4, 51, 10, 0);
+        for (int i = 0; i < 40; i++) {
+            w.encode();
+        }
+        w.open();
+        for (int i = 0; i < 22; i++) {
+            Check.due("P29 behind OPEN", w.encode(), i + 1);
+        }
+        Check.due("P32 178 UNITS", w.take(), 178);
+        // 496 BLOCKS now: one PICTURE more, then none
+        Check.due("P29 496 BLOCKS", w.encode(), 23);
+        Check.refused("P29 504 BLOCKS", w::encode);
+        w.setting(0, 1);
+        w.setting(1, 1);
+        w.open();
+        Check.refused("P29 504 BLOCKS behind OPEN", w::encode);
+    }
+
+    /** Many SLICES by ARITH: the END of each is told whatever LOW is then. */
+    private static void manySlices() {
+        for (int seed = 0; seed < 12; seed++) {
+            VideoSuite v = open(0, 8, 1, 4, 2, 1, 3, 20 + seed, 4, 24, 8, 1, 9, seed * 313, 11, 1 + seed % 2);
+            v.paint(1, 3, 5, seed);
+            for (int i = 0; i < 6; i++) {
+                v.paint(2, 40, 20, seed + i);
+                v.encode();
+            }
+            int n = v.take();
+            Check.due("P32 UNITS", n, 2 + 6 * (seed % 2 == 0 ? 32 : 16));
+            v.decode(400);
+            Check.due("P24 FAULTS of seed " + seed, v.count(4), 0);
+            Check.due("P12 OUTPUTS", v.flush(), 6);
+            for (int k = 0; k < 6; k++) {
+                Check.due("P13 none REPAIRED", v.picture(k, 6), 0);
+                Check.due("P33 filtered luma of " + k, v.sum(k, 0), v.coded(k, 5));
+            }
+        }
+    }
+
+    /** how 2: a & 255 of 1 leaves all as it is, of 0 is 256. */
+    private static void noiseOfOne() {
+        VideoSuite v = open(0, 1, 1, 1, 17, 1);
+        int was = v.paint(1, 7, 9, 3);
+        Check.due("P28 of 1", v.paint(2, 1, 0, 5), was);
+        Check.due("P28 of 257", v.paint(2, 257, 0, 5), was);
+        Check.due("P28 of 1, less 0 but 300: 255", v.paint(2, 1, -300, 5), open(0, 1, 1, 1).paint(0, 255, 0, 0));
+        Check.due("P28 of 1, less 300: 0", v.paint(2, 1, 300, 5), 0);
+        // 255 stays, 256 is 0
+        VideoSuite w = open(0, 1, 1, 1, 17, 1);
+        Check.due("P28 the square's 255", w.paint(4, 0, 0, 511), square(255));
+        Check.due("P28 the square's 0", w.paint(4, 0, 0, 256), square(0));
+        Check.due("P28 the square's 1", w.paint(4, 128, 256, 257), square(1));
+    }
+
+    private static int square(int c) {
+        int h = 0;
+        for (int i = 0; i < 256; i++) {
+            h = 31 * h + (i % 16 < 8 && i < 128 ? c : 128);
+        }
+        return h;
+    }
+
+    /** A 3 is put in before 0 to 3 alone, behind two 0. */
+    private static void emulation() {
+        for (int c = 0; c < 6; c++) {
+            VideoSuite v = open(0, 1, 1, 1, 17, 1);
+            v.paint(0, 100, 100, 100);
+            v.paint(4, 2, 4, 0);
+            v.paint(4, 4, 4, c);
+            v.paint(4, 5, 4, 100);
+            v.encode();
+            v.take();
+            // eight rows of 0 0 c; where c is 0, too, three 0
+            Check.due("P29 bytes put in before " + c, v.unit(2, 2) - v.unit(2, 3), c < 4 ? 8 : 0);
+            int at = 0;
+            for (int i = 2; i < v.unit(2, 2); i++) {
+                at += v.unitByte(2, i - 2) == 0 && v.unitByte(2, i - 1) == 0 && v.unitByte(2, i) == (c < 4 ? 3 : c) ? 1 : 0;
+            }
+            Check.due("P29 behind two 0 stands it", at, 8);
+        }
     }
 }

@@ -33,6 +33,8 @@ public final class DataTest {
         statesAnew();
         manyDecisions();
         allElements();
+        manyEnds();
+        behindThirtyTwo();
         Check.end();
     }
 
@@ -782,5 +784,52 @@ public final class DataTest {
         }
         Check.due("ARITH, the last LEVEL", v.level(7, 18, 1), 1);
         Check.due("ARITH, a reference", v.vector(6, 8, 0, 2), 3);
+    }
+
+    /** END decisions where RANGE is just below 256 behind them, or just not. */
+    private static void manyEnds() {
+        coding = 1;
+        java.util.Random chance = new java.util.Random(17);
+        Streams s = sets(8, 4, 2);
+        own(s);
+        s.add(s.head(1, 2).at(1, 8).data().type(25).raw(1).unit());
+        for (int i = 0; i < 60; i++) {
+            Data d = s.head(1, 0).at(2, 4).n(2).data();
+            for (int mb = 0; mb < 32; mb++) {
+                int kind = chance.nextInt(8);
+                if (kind < 3) {
+                    d.skipped(1);
+                } else if (kind < 6) {
+                    d.type(0).te(1, chance.nextInt(2)).move(chance.nextInt(9) - 4, chance.nextInt(40) - 20).pattern(0);
+                } else if (kind == 6) {
+                    d.type(2).te(1, 0).te(1, 1).move(chance.nextInt(9) - 4, 3, 5, -1).pattern(0);
+                } else {
+                    d.type(30).raw(mb);
+                }
+            }
+            VideoSuite v = whole("many ENDs", s, d);
+            Check.due("ARITH, BLOCKS", v.slice(16), 32);
+        }
+    }
+
+    /** One BLOCK more than a picture can have. */
+    private static void behindThirtyTwo() {
+        for (coding = 0; coding < 2; coding++) {
+            Streams s = sets(8, 4, 1);
+            s.sets();
+            Data d = s.head(5, 2).data();
+            for (int mb = 0; mb < 32; mb++) {
+                d.type(3).colours(0).more(0).token("1");
+            }
+            Check.due(by("32 BLOCKS"), behind("one behind 32", s, d).slice(16), 32);
+            own(s);
+            d = s.head(1, 0).at(1, 2).data();
+            for (int mb = 0; mb < 32; mb++) {
+                d.type(0).move(0, 0).pattern(0);
+            }
+            VideoSuite v = decoded(s, (coding == 0 ? d.type(0) : d.end(false).ue(1, 0)).unit());
+            Check.due(by("one behind 32 of P"), v.fault(0, 2), WRONG);
+            Check.due(by("32 BLOCKS of P"), v.slice(16), 32);
+        }
     }
 }

@@ -627,9 +627,10 @@ public final class EndTest {
 
     /** Whole pictures: what off 1 shows, filtered here, is what off 0 shows. */
     private static void filtered() {
-        for (int seed = 0; seed < 40; seed++) {
-            int a = seed % 13 - 6;
-            int b = seed * 5 % 13 - 6;
+        for (int seed = 0; seed < 56; seed++) {
+            // the last ones with thresholds as high as can be
+            int a = seed < 40 ? seed % 13 - 6 : 6 - seed % 2;
+            int b = seed < 40 ? seed * 5 % 13 - 6 : 6;
             int apart = seed * 7 % 25 - 12;
             int[][][] planes = new int[2][][];
             int[][][] strength = new int[6][16][2];
@@ -640,11 +641,11 @@ public final class EndTest {
                 s.apartStep = apart;
                 s.sets();
                 Streams.Head h = s.head(5, 2).off(seed % 2 == 0 ? off : 1, a, b);
-                h.more = seed % 20 - 4;
+                h.more = seed < 40 ? seed % 20 - 4 : 21 + seed % 3;
                 s.add(noisy(h.data(), chance, true, 6).unit());
                 if (seed % 2 == 1) {
                     h = s.head(1, 0).at(1, 2).off(off, a, b);
-                    h.more = seed % 17;
+                    h.more = seed < 40 ? seed % 17 : 21 + seed % 3;
                     s.add(noisy(h.data(), chance, false, 6).unit());
                 }
                 VideoSuite v = ended(s, 0);

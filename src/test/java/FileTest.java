@@ -252,6 +252,15 @@ public final class FileTest {
         Check.due("P35 no stco", read(join(at8, stsz(5))), refused);
         Check.due("P35 a short stsz", read(join(at8, box("stsz", ints(0, 0)), stsz(5), stco(8))), refused);
         Check.due("P35 a short stco", read(join(at8, stsz(5), box("stco", ints(0, 1)), stco(8))), refused);
+        byte[] three = new byte[3];
+        Check.due("P35 a stsz of 11", read(join(at8, box("stsz", ints(0, 0), three), stco(8))), refused);
+        Check.due("P35 a stsz of 12", read(join(at8, box("stsz", ints(0, 0, 0)), stco(8))), 0);
+        Check.due("P35 a stco of 11", read(join(at8, stsz(5), box("stco", ints(0, 1), three))), refused);
+        Check.due("P35 a stco of 12", read(join(at8, stsz(5), box("stco", ints(0, 1, 8)))), 1);
+        Check.due("P35 a stsz of 15 with one", read(join(at8, box("stsz", ints(0, 0, 1), three), stco(8))), refused);
+        Check.due("P35 a stsz of 16 with one", read(join(at8, box("stsz", ints(0, 0, 1, 5)), stco(8))), 1);
+        Check.due("P35 a stsz of 19 with two", read(join(at8, box("stsz", ints(0, 0, 2, 5), three), stco(8))), refused);
+        Check.due("P35 a stsz of 20 with two", read(join(at8, box("stsz", ints(0, 0, 2, 5, 6)), stco(8))), 2);
         Check.due("P35 lengths missing", read(join(at8, box("stsz", ints(0, 0, 2, 5)), stco(8))), refused);
         Check.due("P35 how many without sign", read(join(at8, box("stsz", ints(0, 0, -1, 5)), stco(8))), refused);
         Check.due("P35 how many, times 4", read(join(at8, box("stsz", ints(0, 0, 1 << 30, 5)), stco(8))), refused);
@@ -338,6 +347,10 @@ public final class FileTest {
                 }
             }
         }
+        VideoSuite s = units(5, 13);
+        Check.due("P5 TYPE", s.unit(1, 0), 1);
+        Check.due("P37 size at most: 104 of 100", s.buffer(1000, 100), 1);
+        Check.due("P37 size at most: 104 of 104", s.buffer(1000, 104), -1);
         // 100: 20, 50 at 30 more, 10, 40, less than 80
         Check.due("P37 rate comes in between", w.buffer(30, 100), 2);
         Check.due("P37 just enough each time", w.buffer(60, 80), -1);

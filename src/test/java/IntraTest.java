@@ -7,15 +7,20 @@ public final class IntraTest {
     private static final int WIDE = 48;
 
     public static void main(String[] args) {
-        planes = noise(7);
-        fours(false);
-        fours(true);
-        foursBehind();
-        sixteens();
-        colours();
+        for (int seed = 0; seed < 8; seed++) {
+            planes = noise(seed);
+            fours(false);
+            fours(true);
+            foursBehind();
+            sixteens();
+            colours();
+        }
         extremes();
+        means();
+        ownSides();
         rests();
         evens();
+        oneEven();
         chromaSteps();
         Check.end();
     }
@@ -303,6 +308,108 @@ public final class IntraTest {
         }
     }
 
+    /** Mode 2 of SIXTEEN, rounded: sums of all rests. */
+    private static void means() {
+        for (int k = 0; k < 32; k++) {
+            for (int mb = 1; mb < 4; mb++) {
+                Streams s = sets(2, 2);
+                Data d = head(s).data();
+                for (int i = 0; i < mb; i++) {
+                    int[] raw = new int[384];
+                    java.util.Arrays.fill(raw, 100);
+                    // the middle of the right column and of the last row
+                    raw[8 * 16 + 15] = mb == 1 || i == 2 ? 100 + k : 100;
+                    raw[15 * 16 + 8] = mb == 2 ? 100 + k : i == 1 ? 100 + 2 * k : 100;
+                    d.type(25).raw(raw);
+                }
+                VideoSuite v = shown(s, d.type(3).colours(0).more(0).token(Codes.token(3, 0, 0)));
+                int due = mb < 3 ? 1600 + k + 8 >> 4 : 3200 + 3 * k + 16 >> 5;
+                Check.due("P14 the mean behind " + mb + ", " + k, v.sample(0, 0, mb % 2 * 16 + 3, mb / 2 * 16 + 3), due);
+            }
+        }
+    }
+
+    /** own 1: samples of BLOCKS by lists are not THERE, each side by itself; own 0: they are. */
+    private static void ownSides() {
+        for (int own = 0; own < 2; own++) {
+            for (int gone = 0; gone < 4; gone++) {
+                Streams s = new Streams().size(3, 2);
+                s.own = own;
+                s.sets();
+                Data d = s.head(5, 2).data();
+                for (int mb = 0; mb < 6; mb++) {
+                    d.type(25).raw(20 + 30 * mb);
+                }
+                s.add(d.unit());
+                // the fifth BLOCK's left, upper, corner, or the one behind it is SKIPPED, the others are RAW
+                int[] where = {3, 1, 0, 2};
+                for (int mode = 0; mode < 9; mode++) {
+                    d = s.head(1, 0).at(1, 2).off(1, 0, 0).data();
+                    for (int mb = 0; mb < 4; mb++) {
+                        if (mb == where[gone]) {
+                            d.skipped(1);
+                        } else {
+                            d.type(30).raw(25 + 30 * mb);
+                        }
+                    }
+                    d.type(5);
+                    boolean isTwo = mode == 2;
+                    if (isTwo) {
+                        d.given();
+                    } else {
+                        d.rest(mode < 2 ? mode : mode - 1);
+                    }
+                    boolean above = own == 0 || gone != 1;
+                    boolean left = own == 0 || gone != 0;
+                    boolean all = above && left && (own == 0 || gone != 2);
+                    boolean may = isTwo || (mode == 1 || mode == 8 ? left : mode == 0 || mode == 3 || mode == 7 ? above : all);
+                    Streams t = new Streams();
+                    t.bytes.writeBytes(s.bytes.toByteArray());
+                    for (int b = 1; may && b < 16; b++) {
+                        d.given();
+                    }
+                    if (may) {
+                        d.colours(0).pattern(3);
+                    }
+                    VideoSuite v = t.add(d.unit()).object();
+                    v.decode(400);
+                    String what = "own " + own + ", BLOCK " + where[gone] + " by lists, mode " + mode;
+                    Check.due(what + ": FAULTS", v.count(4), may ? 0 : 1);
+                    Check.due(what + ": the BLOCK", v.block(4, 0), may ? 0 : -1);
+                    if (mode == 3 && may) {
+                        v.flush();
+                        Check.due(what + ": by what is above", v.sample(1, 0, 16, 16), gone == 1 ? 50 : 55);
+                    }
+                }
+            }
+        }
+        behindOwn();
+    }
+
+    /** T4 .. T7 of piece 5, whose BLOCK is by lists: with own 1 they are T3. */
+    private static void behindOwn() {
+        for (int own = 0; own < 2; own++) {
+            Streams s = new Streams().size(2, 2);
+            s.own = own;
+            s.sets().add(s.head(5, 2).raw(200, 200, 200, 200, 200, 200, 200, 200, 200, 200, 200, 200));
+            Data d = s.head(1, 0).at(1, 2).off(1, 0, 0).data().type(30).raw(40).skipped(1).type(5);
+            for (int b = 0; b < 16; b++) {
+                if (b == 5) {
+                    d.rest(2);
+                } else {
+                    d.given();
+                }
+            }
+            VideoSuite v = s.add(d.colours(0).pattern(3).unit()).object();
+            v.decode(400);
+            Check.due("FAULTS", v.count(4), 0);
+            Check.due("P18 mode of piece 5", v.block(2, 8 + 5), 3);
+            v.flush();
+            Check.due("P14 T4 .. T7, own " + own, v.sample(1, 0, 15, 19), own == 1 ? 40 : 200);
+            Check.due("P14 T0 .. T3, own " + own, v.sample(1, 0, 12, 16), 40);
+        }
+    }
+
     /** A plane beyond 0 and 255 at its corners. */
     private static void extremes() {
         int[][] was = planes;
@@ -433,6 +540,22 @@ public final class IntraTest {
                 Check.due("P14 EVEN 4, STEP " + q + ", " + i, v.sample(0, 1, i % 2 * 4 + 3, i / 2 * 4 + 1),
                         clip(128 + left(only)[0]));
                 Check.due("P14 EVEN 4 of the other plane", v.sample(0, 2, i % 2 * 4 + 3, i / 2 * 4 + 1), 128);
+            }
+        }
+    }
+
+    /** The first of EVEN 16 alone: each piece has the same, rounded. */
+    private static void oneEven() {
+        for (int q = 0; q < 8; q++) {
+            for (int c = 1; c < 200; c += q % 2 == 1 ? 1 : 9) {
+                Streams s = sets(1, 1);
+                Streams.Head h = head(s);
+                h.more = q - 26;
+                Data d = h.data().type(3).colours(0).more(0);
+                VideoSuite v = shown(s, Codes.levels(d, 0, 16, c));
+                int[] only = new int[16];
+                only[0] = (c * norm(q, 0, 0) << q / 6) + 2 >> 2;
+                Check.due("P14 EVEN 16 of " + c + ", STEP " + q, v.sample(0, 0, 9, 6), clip(128 + left(only)[0]));
             }
         }
     }

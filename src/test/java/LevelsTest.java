@@ -11,6 +11,7 @@ public final class LevelsTest {
             means();
             othersTotals();
             coloursTotals();
+            coloursBesideRaw();
             tokens();
             tokensAboveN();
             sixBits();
@@ -176,6 +177,42 @@ public final class LevelsTest {
             Check.due(by("P20 of the other plane, " + c), v.level(0, 23 + c, 1), second[c] > 0 ? 1 : 0);
         }
         Check.due(by("P20 of the next BLOCK"), v.level(1, 25, 6), 1);
+    }
+
+    /** RAW counts 16 for chroma too, and for its own BLOCK alone. */
+    private static void coloursBesideRaw() {
+        Streams s = sets(2, 2);
+        Data d = s.head(5, 2).data().type(3).colours(0).more(0);
+        Codes.ones(d, 0, 16, 0).type(25).raw(50);
+        // below the first one: nothing but 0 around
+        d.type(3 + 8).colours(0).more(0);
+        Codes.ones(d, 0, 16, 0);
+        Codes.ones(d, 4, 4, 0);
+        Codes.ones(d, 4, 4, 0);
+        for (int i = 0; i < 8; i++) {
+            Codes.ones(d, 0, 15, 0);
+        }
+        // below the RAW one: pieces 0 and 1 of each plane see it above
+        d.type(3 + 8).colours(0).more(0);
+        Codes.ones(d, 3, 16, 0);
+        Codes.ones(d, 4, 4, 0);
+        Codes.ones(d, 4, 4, 0);
+        for (int i = 0; i < 8; i++) {
+            Codes.ones(d, i % 4 < 2 ? 3 : 0, 15, i % 4 == 3 ? 1 : 0);
+        }
+        VideoSuite v = whole("chroma beside RAW", s, d);
+        Check.due(by("P20 the last piece"), v.level(3, 26, 1), 1);
+        // SKIPPED counts 0
+        Streams t = sets(2, 1);
+        t.add(t.head(5, 2).data().type(25).raw(1).type(25).raw(2).unit());
+        d = t.head(1, 0).at(1, 2).data().skipped(1).type(5 + 3 + 8).colours(0).more(0);
+        Codes.ones(d, 0, 16, 0);
+        Codes.ones(d, 4, 4, 0);
+        Codes.ones(d, 4, 4, 0);
+        for (int i = 0; i < 8; i++) {
+            Codes.ones(d, 0, 15, 0);
+        }
+        whole("chroma beside SKIPPED", t, d);
     }
 
     private static String zero(int n) {

@@ -11,6 +11,7 @@ public final class MotionTest {
         withoutReference();
         skippedOnes();
         directReferences();
+        directByCorner();
         directOfNone();
         directWithoutEntries();
         stillCorners();
@@ -18,13 +19,19 @@ public final class MotionTest {
         timeOfCorners();
         timeOfLists();
         timeWithoutEntry();
+        timeOfQuarters();
+        timeOfTheLastEntry();
         timesClamped();
+        timesRounded();
         timesOfTheSame();
+        partSamples();
+        partsOfBoth();
         luma();
         chroma();
         plainWeights();
         bothWeights();
         weightsByTime();
+        weightsBehindOthers();
         Check.end();
     }
 
@@ -320,6 +327,28 @@ public final class MotionTest {
         }
     }
 
+    /** C not THERE: D counts. */
+    private static void directByCorner() {
+        Streams s = own(sets(2, 2, 2));
+        for (int corner = 0; corner < 2; corner++) {
+            // the last BLOCK: D is BLOCK 0, B 1, A 2
+            Data d = s.head(1, 1).at(2, 8).ref(0).n(2, 2).data();
+            for (int mb = 0; mb < 3; mb++) {
+                d.type(1).te(1, mb == 0 ? corner : 1).move(4, 4).pattern(0);
+            }
+            VideoSuite v = whole("D of reference " + corner, s, d.skipped(1));
+            Check.due("P19 DIRECT by D", v.vector(3, 0, 0, 2), corner);
+        }
+        // where C is THERE, D does not count: in the second row of three
+        s = own(sets(3, 2, 2));
+        Data d = s.head(1, 1).at(2, 8).ref(0).n(2, 2).data();
+        for (int mb = 0; mb < 4; mb++) {
+            d.type(1).te(1, mb == 0 ? 0 : 1).move(4, 4).pattern(0);
+        }
+        VideoSuite v = whole("D beside C", s, d.skipped(1));
+        Check.due("P19 DIRECT not by D", v.vector(4, 0, 0, 2), 1);
+    }
+
     private static void directOfNone() {
         Streams s = own(sets(2, 1, 2));
         VideoSuite v = whole("DIRECT beside nothing", s, s.head(1, 1).at(2, 8).ref(0).data().type(0).pattern(0));
@@ -472,6 +501,48 @@ public final class MotionTest {
         is("the quarter by time", v, 0, 4, 0, 64 * w.vector(0, 5, 0, 0) + 128 >> 8, 64 * w.vector(0, 5, 0, 1) + 128 >> 8);
     }
 
+    /** By time too it is the CORNER piece that counts: 0, 5, 10, 15. */
+    private static void timeOfQuarters() {
+        Streams s = sets(1, 1, 2).sets();
+        s.add(s.head(5, 2).data().type(25).raw(1).unit());
+        Data d = s.head(1, 0).at(1, 16).data().type(3).sub(3, 3, 3, 3);
+        for (int b = 0; b < 16; b++) {
+            d.move(36 * b % 97 - 40, 28 * b % 89 - 40);
+        }
+        s.add(d.pattern(0).unit());
+        VideoSuite w = s.object();
+        w.decode(400);
+        Streams.Head h = s.head(1, 1).at(2, 4).ref(0);
+        h.space = 0;
+        VideoSuite v = whole("by time", s, h.data().skipped(1));
+        for (int b = 0; b < 16; b++) {
+            int x = w.vector(0, 5 * (b / 4), 0, 0);
+            int y = w.vector(0, 5 * (b / 4), 0, 1);
+            is("by time, piece " + b, v, 0, b, 0, 64 * x + 128 >> 8, 64 * y + 128 >> 8);
+        }
+    }
+
+    /** The picture stands at the last of eight places alone. */
+    private static void timeOfTheLastEntry() {
+        Streams s = sets(1, 1, 2).sets();
+        s.add(s.head(5, 2).data().type(25).raw(1).unit());
+        s.add(s.head(1, 0).at(1, 16).data().type(0).move(20, 8).pattern(0).unit());
+        for (int n = 7; n <= 8; n++) {
+            // seven times the P before it
+            Streams.Head h = s.head(1, 1).at(2, 4).ref(0).n(n, 1).moves(0, 0, 0, 0, 15, 0, 15, 0, 15, 0, 15, 0, 15, 0, 15);
+            h.space = 0;
+            Data d = h.data().type(0);
+            if (n == 7) {
+                fault("it is beyond seven", s, d);
+            } else {
+                VideoSuite v = whole("it is the eighth", s, d.pattern(0));
+                Check.due("P23 the seventh", v.entry(0, 6), 16);
+                Check.due("P23 the eighth", v.entry(0, 7), 0);
+                Check.due("P19 reference 7", v.vector(0, 0, 0, 2), 7);
+            }
+        }
+    }
+
     /** By list 1 of the other picture, if it has none by list 0; the picture is found in list 0. */
     private static void timeOfLists() {
         Streams s = own(sets(1, 1, 3));
@@ -553,15 +624,37 @@ public final class MotionTest {
         }
     }
 
+    /** Many times and VECTORS, rounded as section 5 tells. */
+    private static void timesRounded() {
+        java.util.Random chance = new java.util.Random(3);
+        for (int i = 0; i < 250; i++) {
+            int td = 1 + chance.nextInt(i % 2 == 0 ? 12 : 127);
+            int tb = chance.nextInt(4 * td) - 2 * td;
+            tb = Math.max(-127, Math.min(126, tb == 0 || tb == td ? td / 2 - td : tb));
+            int x = chance.nextInt(4001) - 2000;
+            int y = chance.nextInt(81) - 40;
+            Streams s = sets(1, 1, 2);
+            s.lowBits = 16;
+            s.sets().add(s.head(5, 2).data().type(25).raw(1).unit());
+            s.add(s.head(1, 0).at(1, td).data().type(0).move(x, y).pattern(0).unit());
+            // an ORDER below both or above both: the P is brought to the front of list 1
+            Streams.Head h = s.head(1, 1).at(2, tb & 65535).ref(0).n(2, 2).moves(1, 0, 0);
+            h.space = 0;
+            VideoSuite v = whole("tb " + tb + ", td " + td, s, h.data().skipped(1));
+            int k = Math.max(-1024, Math.min(1023, tb * ((16384 + td / 2) / td) + 32 >> 6));
+            is("tb " + tb + ", td " + td, v, 0, 0, 0, k * x + 128 >> 8, k * y + 128 >> 8);
+        }
+    }
+
     /** td 0: the VECTOR as it is, and 0 0. */
     private static void timesOfTheSame() {
         Streams s = sets(1, 1, 2).sets();
         s.add(s.head(5, 2).data().type(25).raw(1).unit());
-        s.add(s.head(1, 0).at(1, 0).data().type(0).move(40, -30).pattern(0).unit());
+        s.add(s.head(1, 0).at(1, 0).data().type(0).move(2047, -2048).pattern(0).unit());
         Streams.Head h = s.head(1, 1).at(2, 4).ref(0).n(2, 2).moves(1, 0, 0);
         h.space = 0;
         VideoSuite v = whole("td 0", s, h.data().skipped(1));
-        is("td 0", v, 0, 0, 0, 40, -30);
+        is("td 0", v, 0, 0, 0, 2047, -2048);
         is("td 0, list 1", v, 0, 0, 1, 0, 0);
     }
 
@@ -633,6 +726,97 @@ public final class MotionTest {
         return two[0] + two[1] + 1 >> 1;
     }
 
+    /** One piece of sixteen moves another way than the others: it shows. */
+    private static void partSamples() {
+        int[][] planes = noise(32, 32);
+        Streams s = noisy(sets(2, 2, 1), planes);
+        for (int odd = 0; odd < 16; odd++) {
+            // BLOCK 1, so that its pieces are not the first ones
+            Streams t = sets(2, 2, 1);
+            t.bytes.writeBytes(s.bytes.toByteArray());
+            Data d = t.head(1, 0).at(1, 2).off(1, 0, 0).data().type(30).raw(9).type(3).sub(3, 3, 3, 3);
+            int[] now = new int[16];
+            for (int b = 0; b < 16; b++) {
+                int want = b == odd ? -7 : 6;
+                d.move(want - quarterGuess(now, b), 0);
+                now[b] = want;
+            }
+            VideoSuite v = t.add(d.pattern(0).unit()).object();
+            v.decode(400);
+            Check.due("FAULTS", v.count(4), 0);
+            v.flush();
+            for (int i = 0; i < 256; i += 3) {
+                int x = 16 + i % 16;
+                int y = i / 16;
+                int b = number(i % 16 / 4, i / 64);
+                Check.due("P14 piece " + odd + " apart, at " + i, v.sample(1, 0, x, y),
+                        quarter(planes[0], 4 * x + (b == odd ? -7 : 6), 4 * y));
+            }
+            for (int i = 0; i < 64; i += 3) {
+                int x = 8 + i % 8;
+                int y = i / 8;
+                int b = number(i % 8 / 2, i / 16);
+                int x8 = 8 * x + (b == odd ? -7 : 6);
+                int due = (8 - (x8 & 7)) * at(planes[1], 16, x8 >> 3, y) + (x8 & 7) * at(planes[1], 16, (x8 >> 3) + 1, y);
+                Check.due("P14 chroma of piece " + odd, v.sample(1, 1, x, y), 8 * due + 32 >> 6);
+            }
+        }
+    }
+
+    /** Parts by both lists that differ in one thing alone: x, y, or a reference, of one list or of both. */
+    private static void partsOfBoth() {
+        int[][] planes = noise(32, 16);
+        Streams s = noisy(sets(2, 1, 2), planes);
+        Streams.Head own = s.head(1, 2).at(1, 64);
+        Data d = own.data().type(25).raw(10).type(25).raw(240);
+        s.add(d.unit());
+        // of each part: reference, x, y by list 0, by list 1 (entry 0 of list 0 is the noisy one, of list 1 the other)
+        int[][][] rows = {{{0, 5, 6, 1, 5, 6}, {0, 9, 6, 1, 11, 6}}, {{0, 5, 6, 1, 5, 6}, {0, 5, 9, 1, 5, 2}},
+            {{0, 5, 6, 1, 5, 6}, {1, 5, 6, 0, 5, 6}}, {{0, 5, 6, 1, 5, 6}, {0, 5, 6, 0, 5, 6}},
+            {{0, 5, 6, 1, 5, 6}, {1, 5, 6, 1, 5, 6}}, {{0, 5, 6, 1, 5, 6}, {0, 5, 6, 1, 5, 7}}};
+        for (int[][] r : rows) {
+            Streams t = sets(2, 1, 2);
+            t.bytes.writeBytes(s.bytes.toByteArray());
+            Data e = t.head(1, 1).at(2, 20).ref(0).n(2, 2).off(1, 0, 0).data().type(48).raw(9).type(20);
+            e.te(1, r[0][0]).te(1, r[1][0]).te(1, r[0][3]).te(1, r[1][3]);
+            // the GUESS of the upper part is 0 0 (beside I), of the lower one the upper one's VECTOR, if its reference is
+            // the same, else the MEDIAN with 0 0
+            for (int l = 0; l < 2; l++) {
+                int k = 3 * l;
+                e.move(r[0][k + 1], r[0][k + 2]);
+                boolean same = r[0][k] == r[1][k];
+                e.move(r[1][k + 1] - (same ? r[0][k + 1] : 0), r[1][k + 2] - (same ? r[0][k + 2] : 0));
+            }
+            VideoSuite v = t.add(e.pattern(0).unit()).object();
+            v.decode(400);
+            Check.due("FAULTS", v.count(4), 0);
+            for (int part = 0; part < 2; part++) {
+                for (int l = 0; l < 2; l++) {
+                    is("a part by both lists", v, 1, 8 * part, l, r[part][3 * l + 1], r[part][3 * l + 2]);
+                }
+            }
+            v.flush();
+            for (int i = 0; i < 256; i += 5) {
+                int x = 16 + i % 16;
+                int y = i / 16;
+                int[] k = r[y / 8];
+                // entry 1 of list 1 is the noisy one, of list 0 the other
+                int first = k[0] == 0 ? quarter(planes[0], 4 * x + k[1], 4 * y + k[2]) : flat(4 * x + k[1]);
+                int second = k[3] == 1 ? quarter(planes[0], 4 * x + k[4], 4 * y + k[5]) : flat(4 * x + k[4]);
+                Check.due("P14 parts by both lists at " + i, v.sample(1, 0, x, y), first + second + 1 >> 1);
+            }
+        }
+    }
+
+    /** The other picture: 10, then 240. */
+    private static int flat(int x4) {
+        int[] p = new int[32 * 16];
+        for (int i = 0; i < p.length; i++) {
+            p[i] = i % 32 < 16 ? 10 : 240;
+        }
+        return quarter(p, x4, 0);
+    }
+
     /** All sixteen places, inside and outside the picture. */
     private static void luma() {
         int[][] planes = noise(32, 32);
@@ -648,7 +832,7 @@ public final class MotionTest {
             VideoSuite v = t.object();
             v.decode(400);
             v.flush();
-            for (int i = 0; i < 256; i += 17) {
+            for (int i = 0; i < 256; i++) {
                 Check.due("P14 moved by " + mx + ", " + my + " at " + i, v.sample(1, 0, i % 16, i / 16),
                         quarter(planes[0], 4 * (i % 16) + mx, 4 * (i / 16) + my));
             }
@@ -739,7 +923,8 @@ public final class MotionTest {
     /** B, both 2: by time; k >> 2 outside -64 .. 128, td 0, a LONG one: the MEAN; one list: plain. */
     private static void weightsByTime() {
         int[][] orders = {{0, 16, 4}, {0, 16, 12}, {0, 100, 200}, {0, 100, 201}, {0, 100, -100}, {0, 100, -101}, {0, 64, 128},
-            {0, 64, -64}, {0, 64, 129}, {0, 64, -65}, {0, 200, 100}, {0, 3, 1}, {50, 20, 30}, {0, 0, 5}};
+            {0, 64, -64}, {0, 64, 129}, {0, 64, -65}, {0, 200, 100}, {0, 3, 1}, {50, 20, 30}, {0, 0, 5},
+            {0, 62, 124}, {0, 62, 125}, {0, 62, -62}, {0, 62, -63}};
         for (int[] o : orders) {
             for (int isLong = 0; isLong < 2; isLong++) {
                 Streams s = sets(1, 1, 2);
@@ -789,5 +974,26 @@ public final class MotionTest {
         v.decode(400);
         v.flush();
         Check.due("P14 one list: plain", v.sample(1, 0, 0, 0), 250);
+    }
+
+    /** Both 2 behind both 1: what was told there has no use here. */
+    private static void weightsBehindOthers() {
+        Streams s = sets(1, 1, 2);
+        s.both = 1;
+        s.sets();
+        s.both = 2;
+        s.add(s.parameters(1, 0)).add(s.head(5, 2).raw(10, 51, 202)).add(s.head(1, 2).at(1, 16).raw(250, 20, 61));
+        s.both = 1;
+        Streams.Head h = s.head(1, 1).at(2, 4).ref(0).off(1, 0, 0);
+        h.weights = new int[] {3, 4, 20, 100, 9, -100};
+        s.add(h.data().type(3).move(0, 0, 0, 0).pattern(0).unit());
+        h = s.head(1, 1).at(2, 12).ref(0).off(1, 0, 0);
+        h.pars = 1;
+        VideoSuite v = s.add(h.data().type(3).move(0, 0, 0, 0).pattern(0).unit()).object();
+        v.decode(400);
+        Check.due("FAULTS", v.count(4), 0);
+        v.flush();
+        Check.due("P13 ORDER", v.picture(2, 2), 12);
+        Check.due("P14 three quarters of the way", v.sample(2, 0, 3, 3), 10 * 16 + 250 * 48 + 32 >> 6);
     }
 }

@@ -22,6 +22,9 @@ public final class RangesTest {
         whichSets();
         bitsOfFrame();
         endlessNumbers();
+        lastParameters();
+        eightWeights();
+        numbersOfP();
         Check.end();
     }
 
@@ -443,5 +446,66 @@ public final class RangesTest {
         Check.due("31 zeros, 1, 31 bits", v.element(0, 1), 63);
         v = decoded(s, new Bits().ue(2).u(8, 0).plain(0x68));
         Check.due("one FAULT ends the UNIT", v.count(4), 1);
+    }
+
+    private static void lastParameters() {
+        Streams s = new Streams();
+        for (int id = 0; id < 4; id++) {
+            s.add(s.sequence(id)).add(s.parameters(id, id));
+        }
+        for (int id = 0; id < 4; id++) {
+            Streams.Head h = s.head(5, 2);
+            h.pars = id;
+            VideoSuite v = decoded(s, h.raw(1, 2, 3));
+            Check.due("PARAMETERS " + id, v.count(4), 0);
+            Check.due("PARAMETERS " + id, v.slice(2), id);
+        }
+    }
+
+    /** WEIGHTS for each of N, 8 at most. */
+    private static void eightWeights() {
+        for (int n = 1; n <= 8; n++) {
+            Streams s = new Streams();
+            s.weighted = 1;
+            s.refs = 2;
+            s.sets().add(s.head(5, 2).raw(100, 100, 100));
+            Bits b = new Bits().ue(0).ue(0).ue(0).u(4, 1).u(4, 2).u(1, 1).ue(n - 1).u(1, 1);
+            // the same one at each place
+            for (int i = 0; i < n; i++) {
+                b.ue(0).ue(i == 0 ? 0 : 15);
+            }
+            b.ue(3).ue(2).ue(3);
+            for (int i = 0; i < n; i++) {
+                b.u(1, 1).se(4).se(i + 1).u(1, 1).se(8).se(-i).se(8).se(2 * i);
+            }
+            b.u(1, 0).se(0).ue(1);
+            // P, 16 by 16 by the last one, VECTOR 0 0
+            b.ue(0).ue(0);
+            (n == 2 ? b.u(1, 0) : n > 2 ? b.ue(n - 1) : b).se(0).se(0).ue(0);
+            VideoSuite v = decoded(s, b.unit(0x21));
+            Check.due("N " + n + ": FAULTS", v.count(4), 0);
+            v.flush();
+            Check.due("P14 the weight of the last of " + n, v.sample(1, 0, 5, 5), 100 + n);
+            Check.due("P14 of chroma", v.sample(1, 1, 5, 5), 100 - (n - 1));
+            Check.due("P14 of the other one", v.sample(1, 2, 5, 5), 100 + 2 * (n - 1));
+        }
+    }
+
+    private static void numbersOfP() {
+        Streams s = new Streams();
+        s.n0 = 2;
+        s.n1 = 5;
+        s.sets().add(s.head(5, 2).raw(1, 2, 3));
+        VideoSuite v = decoded(s, s.head(1, 0).at(1, 2).skipped(1));
+        Check.due("P17 N0 as in the PARAMETERS", v.slice(9), 2);
+        Check.due("P17 P has no N1", v.slice(10), 0);
+        v = decoded(s, s.head(1, 0).at(1, 2).n(7).skipped(1));
+        Check.due("P17 N0 as told", v.slice(9), 7);
+        Check.due("P17 P has no N1", v.slice(10), 0);
+        v = decoded(s, s.head(1, 2).at(1, 2).raw(1, 2, 3));
+        Check.due("P17 I has no N0", v.slice(9), 0);
+        Check.due("P17 I has no N1", v.slice(10), 0);
+        v = decoded(s, s.head(1, 1).at(1, 2).ref(0).raw(1, 2, 3));
+        Check.due("P17 B has N1", v.slice(10), 5);
     }
 }

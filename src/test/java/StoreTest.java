@@ -35,6 +35,12 @@ public final class StoreTest {
         fullStore();
         ownAndDrop();
         opFiveOut();
+        numbersGiven();
+        madeUpAgain();
+        latestReferenceStays();
+        endedStays();
+        asAtFirst();
+        setsGone();
         Check.end();
     }
 
@@ -836,5 +842,173 @@ public final class StoreTest {
         Check.due("P22 it waits", v.stored(0, 4), 1);
         v.flush();
         Check.due("P14 it is the last", v.sample(3, 0, 0, 0), 9);
+    }
+
+    /** What was LONG and waits still has no number. */
+    private static void numbersGiven() {
+        Streams s = many(4, 2);
+        s.add(s.head(1, 2).at(2, 4).ops(4, 4, 3, 0, 3).raw(1, 1, 1)).add(s.head(1, 2).at(3, 6).ops(2, 3).raw(1, 1, 1));
+        VideoSuite v = decoded(s.add(s.sequence(3)));
+        int[] use = {1, 0, 1, 1};
+        for (int i = 0; i < 4; i++) {
+            Check.due("P22 use of " + i, v.stored(i, 2), use[i]);
+            Check.due("P22 number of " + i, v.stored(i, 3), -1);
+            Check.due("P22 it waits, " + i, v.stored(i, 4), 1);
+        }
+        v = flushed(many(4, 2).add(s.head(1, 2).at(2, 4).ops(4, 4, 3, 0, 3).raw(1, 1, 1)));
+        Check.due("P22 its number", v.stored(1, 3), 3);
+        Check.due("P22 no other has one", v.stored(0, 3), -1);
+    }
+
+    /** Pictures come and go: nothing of those that were made up, dropped or LONG is left in later ones. */
+    private static void madeUpAgain() {
+        Streams s = gaps(2);
+        s.lowBits = 16;
+        s.sets().add(s.head(5, 2).raw(1, 1, 1));
+        int frame = 0;
+        for (int i = 1; i < 40; i++) {
+            frame = (frame + (i % 3 == 0 ? 3 : 1)) % 16;
+            s.add(i % 2 == 0 ? s.head(1, 0).at(frame, 10 * i).skipped(1) : s.head(1, 2).at(frame, 10 * i).raw(i, i, i));
+        }
+        VideoSuite v = s.object();
+        v.decode(3);
+        for (int i = 1; i < 40; i++) {
+            v.decode(1);
+            if (i % 4 == 0) {
+                v.flush();
+            }
+            int n = 0;
+            for (int k = 0; k < v.count(5); k++) {
+                boolean made = v.stored(k, 5) == 1;
+                n += made ? 1 : 0;
+                if (made) {
+                    Check.due("P22 made up: ORDER", v.stored(k, 1), 0);
+                    Check.due("P22 made up: not WAITING", v.stored(k, 4), 0);
+                    Check.due("P22 made up: not trusted", v.stored(k, 6), 0);
+                } else {
+                    Check.due("P22 not made up: ORDER", v.stored(k, 1) % 10, 0);
+                }
+            }
+            if (i % 3 == 0) {
+                Check.due("P22 made up before " + i, n > 0 ? 1 : 0, 1);
+            }
+        }
+        v.flush();
+        for (int k = 0; k < 40; k++) {
+            Check.due("P13 ORDER of " + k, v.picture(k, 2), 10 * k);
+            // P refers to what was made up, where that is the latest
+            Check.due("P13 trusted, " + k, v.picture(k, 5), k % 6 == 0 && k > 0 ? 0 : 1);
+        }
+    }
+
+    /** The latest REFERENCE's samples, though it is stored no more and others came and went since. */
+    private static void latestReferenceStays() {
+        Streams s = gaps(1);
+        s.lowBits = 16;
+        s.sets().add(s.head(5, 2).at(0, 5000).raw(77, 66, 55));
+        int frame = 0;
+        for (int i = 0; i < 14; i++) {
+            // each is out at once; before each two are made up
+            frame = (frame + 3) % 16;
+            s.add(s.head(1, 2).at(frame, 100 + i).ref(0).raw(i, i, i));
+            frame = (frame + 15) % 16;
+        }
+        s.add(s.head(1, 0).at((frame + 3) % 16, 200).ref(0).skipped(1));
+        VideoSuite v = s.object();
+        v.decode(3);
+        v.flush();
+        v.decode(400);
+        v.flush();
+        Check.due("P24 FAULTS", v.count(4), 0);
+        Check.due("P12 OUTPUTS", v.count(3), 16);
+        Check.due("P14 by the latest REFERENCE", v.sample(15, 0, 3, 3), 77);
+        Check.due("P14 by the latest REFERENCE", v.sample(15, 2, 3, 3), 55);
+    }
+
+    /** REPAIR by the PICTURE that ended before, though it is put out and stored no more. */
+    private static void endedStays() {
+        Streams s = sets(1).size(2, 1).sets();
+        s.add(s.head(5, 2).at(0, 100).raw(50, 50, 50, 60, 60, 60));
+        for (int i = 0; i < 6; i++) {
+            s.add(s.head(1, 2).at(1, 10 + 2 * i).ref(0).raw(70 + i, 1, 1, 80 + i, 2, 2));
+            s.add(s.head(1, 2).at(1, 11 + 2 * i).ref(0).raw(90, 3, 3));
+        }
+        VideoSuite v = s.object();
+        v.repair(1);
+        v.decode(400);
+        v.flush();
+        for (int i = 0; i < 6; i++) {
+            Check.due("P13 ORDER", v.picture(2 * i + 1, 2), 11 + 2 * i);
+            Check.due("P10 by the one before, " + i, v.sample(2 * i + 1, 0, 20, 5), 80 + i);
+            Check.due("P10 its chroma, " + i, v.sample(2 * i + 1, 1, 12, 5), 2);
+        }
+    }
+
+    private static String told(VideoSuite v) {
+        StringBuilder t = new StringBuilder();
+        int n = v.count(1);
+        for (int k = 0; k < n; k++) {
+            v.decode(1);
+            t.append(store(v)).append('|').append(ordersOf(v)).append('|').append(list(v, 0)).append('|').append(v.count(4));
+            t.append('|').append(v.count(7)).append('|').append(Check.told(() -> v.slice(17))).append(' ');
+        }
+        v.flush();
+        for (int k = 0; k < v.count(3); k++) {
+            t.append(v.picture(k, 2)).append(':').append(v.sum(k, 0)).append(' ');
+        }
+        for (int i = 0; i < v.count(4); i++) {
+            t.append(v.fault(i, 0)).append(':').append(v.fault(i, 1)).append(' ');
+        }
+        return t.toString();
+    }
+
+    /** Behind anew and split all is as it was at first, whatever was decoded before. */
+    private static void asAtFirst() {
+        Streams s = gaps(3);
+        s.add(s.sequence(0)).add(s.parameters(0, 0));
+        // nothing ACTIVE yet; an OWN one that is no REFERENCE: no LONG number may be, LOW before is 0, no REFERENCE is there
+        s.add(s.head(1, 2).at(1, 5).raw(9, 9, 9)).add(s.head(5, 2).ref(0).raw(1, 1, 1));
+        s.add(s.head(1, 0).at(2, 200).skipped(1)).add(s.head(1, 2).at(3, 201).ops(6, 0).raw(2, 2, 2));
+        s.add(s.head(1, 2).at(4, 3).ops(4, 4).raw(3, 3, 3)).add(s.head(1, 2).at(5, 120).ops(6, 3).raw(4, 4, 4));
+        s.add(s.head(1, 2).at(9, 240).raw(5, 5, 5)).add(s.head(1, 0).at(10, 242).n(4).skipped(1));
+        s.add(s.head(1, 2).at(10, 244).n(4).raw(5, 5, 5)).add(Streams.bytes(6));
+        VideoSuite v = s.object();
+        String first = told(v);
+        Check.due("there are FAULTS", v.count(4) > 0 ? 1 : 0, 1);
+        v.anew();
+        same("P9 as at first", told(v), first);
+        s.give(v);
+        same("P4 as at first", told(v), first);
+        v.mux();
+        v.demux();
+        same("P35 as at first", told(v), first);
+        v.anew();
+        v.decode(7);
+        v.anew();
+        same("P9 as at first, behind a part", told(v), first);
+    }
+
+    /** All SETS are gone, and the lists. */
+    private static void setsGone() {
+        Streams s = sets(1);
+        for (int id = 0; id < 4; id++) {
+            s.add(s.sequence(id)).add(s.parameters(id, id));
+        }
+        s.add(s.head(5, 2).raw(1, 1, 1)).add(s.head(1, 0).at(1, 2).skipped(1));
+        VideoSuite v = decoded(s);
+        Check.due("P23 entry", v.entry(0, 0), 0);
+        for (int id = 0; id < 4; id++) {
+            Check.due("P16 SEQUENCE " + id, v.set(0, id, 0), 1);
+            Check.due("P16 PARAMETERS " + id, v.set(1, id, 0), id);
+        }
+        v.anew();
+        Check.missing("P9 no entry", () -> v.entry(0, 0));
+        for (int id = 0; id < 4; id++) {
+            int k = id;
+            Check.missing("P9 no SEQUENCE " + id, () -> v.set(0, k, 0));
+            Check.missing("P9 no PARAMETERS " + id, () -> v.set(1, k, 0));
+        }
+        Check.due("P9 UNITS", v.anew(), s.object().count(1));
+        Check.due("P9 none is decoded", v.unit(0, 5), 0);
     }
 }

@@ -1,0 +1,642 @@
+import java.util.Random;
+
+/**
+ * Section 8, by costs: what is chosen for a BLOCK alone (nothing is THERE around it), reckoned here from INPUT and
+ * the OUTPUTS before it, and the LEVELS of what is left.
+ */
+public final class CostsTest {
+    private static final int[] SCAN_X = {0, 1, 0, 0, 1, 2, 3, 2, 1, 0, 1, 2, 3, 3, 2, 3};
+    private static final int[] SCAN_Y = {0, 0, 1, 2, 1, 0, 0, 1, 2, 3, 3, 2, 1, 2, 3, 3};
+    private static final int[] NORM = Codes.numbers(Codes.between("of row q % 6 of", ": the first for x, y both even"));
+    private static final int[] MEASURE = Codes.numbers(Codes.between("MF(q, x, y) as NORM of", "; f ="));
+
+    public static void main(String[] args) {
+        for (int seed = 0; seed < 60; seed++) {
+            own(seed);
+        }
+        for (int seed = 0; seed < 60; seed++) {
+            anchors(seed);
+        }
+        for (int seed = 0; seed < 120; seed++) {
+            both(seed);
+        }
+        oneLevel();
+        evenAlone();
+        Check.end();
+    }
+
+    private static VideoSuite open(int... settings) {
+        VideoSuite v = new VideoSuite();
+        for (int i = 0; i < settings.length; i += 2) {
+            v.setting(settings[i], settings[i + 1]);
+        }
+        v.open();
+        return v;
+    }
+
+    private static int clip(int x) {
+        return x < 0 ? 0 : x > 255 ? 255 : x;
+    }
+
+    private static int of(int[] table, int q, int x, int y) {
+        return table[3 * (q % 6) + (x % 2 == 0 && y % 2 == 0 ? 0 : x % 2 == 1 && y % 2 == 1 ? 2 : 1)];
+    }
+
+    /** W of a piece, row by row. */
+    private static int[] turned(int[] x) {
+        int[][] f = {{1, 1, 1, 1}, {2, 1, -1, -2}, {1, -1, -1, 1}, {1, -2, 2, -1}};
+        int[] w = new int[16];
+        for (int i = 0; i < 16; i++) {
+            for (int k = 0; k < 16; k++) {
+                w[i] += f[i / 4][k / 4] * x[k] * f[i % 4][k % 4];
+            }
+        }
+        return w;
+    }
+
+    private static int level(int w, int measure, int add, int shift) {
+        int size = Math.abs(w) * measure + add >> shift;
+        return w < 0 ? -size : size;
+    }
+
+    /** LEVELS by SCAN of what is left of a piece. */
+    private static int[] levels(int[] left, int q, boolean isI) {
+        int[] w = turned(left);
+        int[] out = new int[16];
+        for (int i = 0; i < 16; i++) {
+            int add = (1 << 15 + q / 6) / (isI ? 3 : 6);
+            out[i] = level(w[4 * SCAN_Y[i] + SCAN_X[i]], of(MEASURE, q, SCAN_X[i], SCAN_Y[i]), add, 15 + q / 6);
+        }
+        return out;
+    }
+
+    /** What is predicted, and what LEVELS add to it. */
+    private static int[] filled(int[] predicted, int[] level, int q) {
+        int[] w = new int[16];
+        for (int i = 0; i < 16; i++) {
+            w[4 * SCAN_Y[i] + SCAN_X[i]] = level[i] * of(NORM, q, SCAN_X[i], SCAN_Y[i]) << q / 6;
+        }
+        for (int pass = 0; pass < 2; pass++) {
+            int step = pass == 0 ? 1 : 4;
+            for (int i = 0; i < 4; i++) {
+                int k = pass == 0 ? 4 * i : i;
+                int e = w[k] + w[k + 2 * step];
+                int f = w[k] - w[k + 2 * step];
+                int g = (w[k + step] >> 1) - w[k + 3 * step];
+                int h = w[k + step] + (w[k + 3 * step] >> 1);
+                w[k] = e + h;
+                w[k + step] = f + g;
+                w[k + 2 * step] = f - g;
+                w[k + 3 * step] = e - h;
+            }
+        }
+        for (int i = 0; i < 16; i++) {
+            w[i] = clip(predicted[i] + (w[i] + 32 >> 6));
+        }
+        return w;
+    }
+
+    private static int e(int[] row, int k) {
+        return row[4 + k];
+    }
+
+    private static int m3(int a, int b, int c) {
+        return a + 2 * b + c + 2 >> 2;
+    }
+
+    private static int slanted(int[] row, int x, int y, int way) {
+        int k = x - (y >> 1);
+        int v = 2 * x - y;
+        if (v >= 0 && v % 2 == 0) {
+            return e(row, way * k) + e(row, way * (k + 1)) + 1 >> 1;
+        }
+        int c = v > 0 ? k : v == -1 ? 0 : 1 - y;
+        return m3(e(row, way * (c - 1)), e(row, way * c), e(row, way * (c + 1)));
+    }
+
+    /** A piece by a mode; row is E of it. */
+    private static int[] four(int mode, int[] row, boolean left, boolean above) {
+        int[] out = new int[16];
+        int l = e(row, -1) + e(row, -2) + e(row, -3) + e(row, -4);
+        int t = e(row, 1) + e(row, 2) + e(row, 3) + e(row, 4);
+        for (int i = 0; i < 16; i++) {
+            int x = i % 4;
+            int y = i / 4;
+            int k = 1 + x + (y >> 1);
+            int d = -1 - y - (x >> 1);
+            int v = x + 2 * y;
+            switch (mode) {
+                case 0 -> out[i] = e(row, 1 + x);
+                case 1 -> out[i] = e(row, -1 - y);
+                case 2 -> out[i] = left && above ? l + t + 4 >> 3 : left ? l + 2 >> 2 : above ? t + 2 >> 2 : 128;
+                case 3 -> out[i] = i == 15 ? m3(e(row, 7), e(row, 8), e(row, 8))
+                        : m3(e(row, 1 + x + y), e(row, 2 + x + y), e(row, 3 + x + y));
+                case 4 -> out[i] = m3(e(row, x - y - 1), e(row, x - y), e(row, x - y + 1));
+                case 5 -> out[i] = slanted(row, x, y, 1);
+                case 6 -> out[i] = slanted(row, y, x, -1);
+                case 7 -> out[i] = y % 2 == 0 ? e(row, k) + e(row, k + 1) + 1 >> 1 : m3(e(row, k), e(row, k + 1), e(row, k + 2));
+                default -> out[i] = v > 5 ? e(row, -4) : v == 5 ? m3(e(row, -3), e(row, -4), e(row, -4))
+                        : v % 2 == 0 ? e(row, d) + e(row, d - 1) + 1 >> 1 : m3(e(row, d), e(row, d - 1), e(row, d - 2));
+            }
+        }
+        return out;
+    }
+
+    private static final int[] MODES = new int[16];
+    private static final int[][] LEVELS = new int[16][];
+
+    /** FOUR's cost; its modes and LEVELS are noted. */
+    private static int costOfFour(int[] input, int q) {
+        int[] shown = new int[256];
+        int cost = 0;
+        int bits = 8;
+        for (int b = 0; b < 16; b++) {
+            int px = b / 4 % 2 * 8 + b % 2 * 4;
+            int py = b / 8 * 8 + b / 2 % 2 * 4;
+            boolean left = px > 0;
+            boolean above = py > 0;
+            int[] row = new int[13];
+            boolean behind = above && px < 12 && number(px + 4, py - 4) < b && b != 3 && b != 11;
+            for (int i = 0; i < 4; i++) {
+                row[3 - i] = left ? shown[(py + i) * 16 + px - 1] : 0;
+                row[5 + i] = above ? shown[(py - 1) * 16 + px + i] : 0;
+            }
+            row[4] = left && above ? shown[(py - 1) * 16 + px - 1] : 0;
+            for (int i = 4; i < 8; i++) {
+                row[5 + i] = behind ? shown[(py - 1) * 16 + px + i] : row[8];
+            }
+            String may = left && above ? "012345678" : left ? "128" : above ? "0237" : "2";
+            int guess = !left || !above ? 2 : Math.min(MODES[number(px - 4, py)], MODES[number(px, py - 4)]);
+            int least = Integer.MAX_VALUE;
+            int[] best = null;
+            for (int k = 0; k < may.length(); k++) {
+                int mode = may.charAt(k) - '0';
+                int[] p = four(mode, row, left, above);
+                int d = 0;
+                for (int i = 0; i < 16; i++) {
+                    d += Math.abs(input[(py + i / 4) * 16 + px + i % 4] - p[i]);
+                }
+                if (d < least) {
+                    least = d;
+                    best = p;
+                    MODES[b] = mode;
+                }
+            }
+            cost += least;
+            bits += MODES[b] == guess ? 1 : 4;
+            int[] rest = new int[16];
+            for (int i = 0; i < 16; i++) {
+                rest[i] = input[(py + i / 4) * 16 + px + i % 4] - best[i];
+            }
+            LEVELS[b] = levels(rest, q, true);
+            int[] f = filled(best, LEVELS[b], q);
+            for (int i = 0; i < 16; i++) {
+                shown[(py + i / 4) * 16 + px + i % 4] = f[i];
+            }
+        }
+        return cost + (q / 4 + 1) * bits;
+    }
+
+    private static int number(int x, int y) {
+        return y / 8 * 8 + x / 8 * 4 + y / 4 % 2 * 2 + x / 4 % 2;
+    }
+
+    private static int costOfSixteen(int[] input, int q) {
+        int d = 0;
+        for (int x : input) {
+            d += Math.abs(x - 128);
+        }
+        return d + (q / 4 + 1) * 8;
+    }
+
+    /** Luma of INPUT as these calls paint it: one BLOCK. */
+    private static void paint(VideoSuite v, int[] luma, int how, int a, int b, int c) {
+        v.paint(how, a, b, c);
+        int s = c;
+        int[] was = luma.clone();
+        for (int i = 0; i < 256; i++) {
+            int x = i % 16;
+            int y = i / 16;
+            if (how == 0) {
+                luma[i] = a & 255;
+            } else if (how == 1) {
+                luma[i] = a * x + b * y + c & 255;
+            } else if (how == 2) {
+                s = 1664525 * s + 1013904223;
+                luma[i] = clip(luma[i] + (s >>> 24) % a - b);
+            } else if (how == 3) {
+                luma[i] = was[Math.max(0, Math.min(15, y - b)) * 16 + Math.max(0, Math.min(15, x - a))];
+            } else if (x >= a && x < a + 8 && y >= b && y < b + 8) {
+                luma[i] = c;
+            }
+        }
+    }
+
+    /** The BLOCK of the PICTURE that was decoded last is I: as is told by costs. */
+    private static void isI(String what, VideoSuite v, int[] input, int q, int least) {
+        int sixteen = costOfSixteen(input, q);
+        int four = costOfFour(input, q);
+        int kind = Math.min(sixteen, four) >= least ? 3 : sixteen <= four ? 1 : 0;
+        Check.due(what + ": kind", v.block(0, 0), kind);
+        for (int b = 0; b < 16 && kind == 0; b++) {
+            Check.due(what + ": mode of " + b, v.block(0, 8 + b), MODES[b]);
+            boolean isTold = (v.block(0, 3) >> b / 4 & 1) == 1;
+            boolean has = false;
+            for (int i = 0; i < 16; i++) {
+                has |= LEVELS[b][i] != 0;
+            }
+            Check.due(what + ": a quarter's bit", has && !isTold ? 1 : 0, 0);
+            for (int i = 0; i < 16; i += 3) {
+                Check.due(what + ": LEVEL " + i + " of " + b, v.level(0, b, i), LEVELS[b][i]);
+            }
+        }
+        if (kind == 1) {
+            sixteensLevels(what, v, input, q);
+        }
+    }
+
+    private static void sixteensLevels(String what, VideoSuite v, int[] input, int q) {
+        int[] even = new int[16];
+        int all = 0;
+        int[][] rest = new int[16][16];
+        for (int b = 0; b < 16; b++) {
+            int px = b / 4 % 2 * 8 + b % 2 * 4;
+            int py = b / 8 * 8 + b / 2 % 2 * 4;
+            for (int i = 0; i < 16; i++) {
+                rest[b][i] = input[(py + i / 4) * 16 + px + i % 4] - 128;
+            }
+            even[py + px / 4] = turned(rest[b])[0];
+            rest[b] = levels(rest[b], q, true);
+            for (int i = 1; i < 16; i++) {
+                all += rest[b][i] != 0 ? 1 : 0;
+            }
+        }
+        Check.due(what + ": luma pattern", v.block(0, 3), all > 0 ? 15 : 0);
+        for (int k = 0; k < 64; k++) {
+            int b = k / 4;
+            int i = 1 + k * 7 % 15;
+            Check.due(what + ": LEVEL " + i + " of " + b, v.level(0, b, i), rest[b][i]);
+        }
+        int[][] m = {{1, 1, 1, 1}, {1, 1, -1, -1}, {1, -1, -1, 1}, {1, -1, 1, -1}};
+        for (int i = 0; i < 16; i++) {
+            int w = 0;
+            for (int k = 0; k < 16; k++) {
+                w += m[SCAN_Y[i]][k / 4] * even[k] * m[k % 4][SCAN_X[i]];
+            }
+            int add = 2 * ((1 << 15 + q / 6) / 3);
+            Check.due(what + ": EVEN 16, " + i, v.level(0, 16, i), level(w / 2, of(MEASURE, q, 0, 0), add, 16 + q / 6));
+        }
+    }
+
+    private static void own(int seed) {
+        Random r = new Random(seed);
+        int q = 12 + r.nextInt(40);
+        VideoSuite v = open(0, 1, 1, 1, 3, q, 2, seed % 2);
+        int[] luma = new int[256];
+        if (seed % 3 > 0) {
+            paint(v, luma, 1, r.nextInt(21) - 10, r.nextInt(21) - 10, r.nextInt(256));
+        } else {
+            paint(v, luma, 0, 100 + r.nextInt(60), 128, 128);
+        }
+        if (seed % 4 > 0) {
+            paint(v, luma, 4, r.nextInt(10), r.nextInt(10), r.nextInt(256));
+        }
+        int noise = 1 + r.nextInt(seed % 5 == 0 ? 200 : 12);
+        paint(v, luma, 2, noise, noise / 2, seed);
+        v.encode();
+        v.take();
+        v.decode(3);
+        Check.due("P24 FAULTS", v.count(4), 0);
+        isI("OWN of seed " + seed, v, luma, q, Integer.MAX_VALUE);
+    }
+
+    // ---- lists
+
+    private static int at(int[] p, int x, int y) {
+        return p[Math.max(0, Math.min(15, y)) * 16 + Math.max(0, Math.min(15, x))];
+    }
+
+    private static int tap(int a, int b, int c, int d, int e, int f) {
+        return a - 5 * b + 20 * c + 20 * d - 5 * e + f;
+    }
+
+    private static int across(int[] p, int x, int y) {
+        return tap(at(p, x - 2, y), at(p, x - 1, y), at(p, x, y), at(p, x + 1, y), at(p, x + 2, y), at(p, x + 3, y));
+    }
+
+    private static int down(int[] p, int x, int y) {
+        return clip(tap(at(p, x, y - 2), at(p, x, y - 1), at(p, x, y), at(p, x, y + 1), at(p, x, y + 2), at(p, x, y + 3))
+                + 16 >> 5);
+    }
+
+    private static int quarter(int[] p, int x4, int y4) {
+        int x = x4 >> 2;
+        int y = y4 >> 2;
+        int g = at(p, x, y);
+        int b = clip(across(p, x, y) + 16 >> 5);
+        int h = down(p, x, y);
+        int s = clip(across(p, x, y + 1) + 16 >> 5);
+        int m = down(p, x + 1, y);
+        int j = clip(tap(across(p, x, y - 2), across(p, x, y - 1), across(p, x, y), across(p, x, y + 1), across(p, x, y + 2),
+                across(p, x, y + 3)) + 512 >> 10);
+        int[][] of = {{g, g}, {g, h}, {h, h}, {h, at(p, x, y + 1)}, {g, b}, {b, h}, {h, j}, {h, s}, {b, b}, {b, j}, {j, j},
+            {j, s}, {b, at(p, x + 1, y)}, {b, m}, {j, m}, {s, m}};
+        int[] two = of[4 * (x4 & 3) + (y4 & 3)];
+        return two[0] + two[1] + 1 >> 1;
+    }
+
+    private static int[] moved(int[] p, int mx, int my) {
+        int[] out = new int[256];
+        for (int i = 0; i < 256; i++) {
+            out[i] = quarter(p, 4 * (i % 16) + mx, 4 * (i / 16) + my);
+        }
+        return out;
+    }
+
+    private static int differences(int[] input, int[] p) {
+        int d = 0;
+        for (int i = 0; i < 256; i++) {
+            d += Math.abs(input[i] - p[i]);
+        }
+        return d;
+    }
+
+    private static int bitsOfSe(int v) {
+        return 2 * (31 - Integer.numberOfLeadingZeros((v > 0 ? 2 * v - 1 : -2 * v) + 1)) + 1;
+    }
+
+    private static int bits(int n, int r, int x, int y) {
+        int ofR = n == 1 ? 0 : n == 2 ? 1 : 2 * (31 - Integer.numberOfLeadingZeros(r + 1)) + 1;
+        return bitsOfSe(x) + bitsOfSe(y) + ofR;
+    }
+
+    /** cost, reference, x, y, bits of the best of a list; the GUESS is 0 0. */
+    private static int[] search(int[] input, int[][] list, int reach, int price) {
+        int[] best = {Integer.MAX_VALUE, 0, 0, 0, 0};
+        for (int r = 0; r < list.length; r++) {
+            int[] mine = {Integer.MAX_VALUE, r, 0, 0, 0};
+            for (int y = -reach; y <= reach; y++) {
+                for (int x = -reach; x <= reach; x++) {
+                    offer(mine, input, list, r, 4 * x, 4 * y, price);
+                }
+            }
+            for (int step = 2; step > 0; step--) {
+                int x = mine[2];
+                int y = mine[3];
+                for (int k = 0; k < 9; k++) {
+                    if (k != 4) {
+                        offer(mine, input, list, r, x + step * (k % 3 - 1), y + step * (k / 3 - 1), price);
+                    }
+                }
+            }
+            best = mine[0] < best[0] ? mine : best;
+        }
+        return best;
+    }
+
+    private static void offer(int[] mine, int[] input, int[][] list, int r, int x, int y, int price) {
+        int bits = bits(list.length, r, x, y);
+        int cost = differences(input, moved(list[r], x, y)) + price * bits;
+        if (cost < mine[0]) {
+            mine[0] = cost;
+            mine[2] = x;
+            mine[3] = y;
+            mine[4] = bits;
+        }
+    }
+
+    /** Luma of an OUTPUT of one BLOCK. */
+    private static int[] shown(VideoSuite v, int order) {
+        int k = 0;
+        while (v.picture(k, 2) != order) {
+            k++;
+        }
+        int[] p = new int[256];
+        for (int i = 0; i < 256; i++) {
+            p[i] = v.sample(k, 0, i % 16, i / 16);
+        }
+        return p;
+    }
+
+    /** By an object of its own, as an object answers 512 calls alone. */
+    private static int[] shown(Coded made, int order) {
+        VideoSuite v = made.again();
+        v.take();
+        v.decode(400);
+        v.flush();
+        return shown(v, order);
+    }
+
+    interface Coded {
+        VideoSuite again();
+    }
+
+    private static void texture(VideoSuite v, int[] luma, int seed) {
+        paint(v, luma, 1, seed % 7 * 3 - 9, seed % 5 * 4 - 8, 90);
+        paint(v, luma, 4, seed % 9, seed % 8, 200);
+        paint(v, luma, 2, 60, 30, seed);
+    }
+
+    private static VideoSuite coded(int seed, int pictures, int[] last, int... settings) {
+        VideoSuite v = open(settings);
+        int[] luma = last;
+        texture(v, luma, seed);
+        for (int i = 1; i <= pictures; i++) {
+            if (i == pictures && seed % 6 == 5) {
+                paint(v, luma, 0, 100 + seed, 128, 128);
+                paint(v, luma, 2, 3 + seed % 9, 1 + seed % 9 / 2, seed + i);
+            } else if (i > 1) {
+                paint(v, luma, 3, (seed + i) % 5 - 2, (seed / 2 + i) % 5 - 2, 0);
+                paint(v, luma, 2, 3 + seed % 9, 1 + seed % 9 / 2, seed + i);
+            }
+            v.encode();
+        }
+        return v;
+    }
+
+    private static void anchors(int seed) {
+        int refs = 1 + seed % 3;
+        int q = 14 + seed % 30;
+        int reach = seed % 5;
+        int[] settings = {0, 1, 1, 1, 3, 20, 4, q, 7, refs, 10, reach, 2, seed % 2};
+        int n = 1 + refs;
+        int[] input = new int[256];
+        VideoSuite v = coded(seed, n, input, settings);
+        int[][] list = new int[refs][];
+        for (int r = 0; r < refs; r++) {
+            list[r] = shown(() -> coded(seed, n, new int[256], settings), 2 * (n - 2 - r));
+        }
+        int[] best = search(input, list, reach, q / 4 + 1);
+        v.take();
+        v.decode(400);
+        String what = "P of seed " + seed;
+        isI(what, v, input, q, best[0]);
+        if (v.block(0, 0) == 3) {
+            Check.due(what + ": reference", v.vector(0, 0, 0, 2), best[1]);
+            Check.due(what + ": x", v.vector(0, 0, 0, 0), best[2]);
+            Check.due(what + ": y", v.vector(0, 0, 0, 1), best[3]);
+            restOf(what, v, input, moved(list[best[1]], best[2], best[3]), q);
+        }
+    }
+
+    /** LEVELS of a BLOCK that is not I; SKIPPED, if it may be. */
+    private static void restOf(String what, VideoSuite v, int[] input, int[] p, int q) {
+        int pattern = 0;
+        for (int b = 0; b < 16; b++) {
+            int px = b / 4 % 2 * 8 + b % 2 * 4;
+            int py = b / 8 * 8 + b / 2 % 2 * 4;
+            int[] rest = new int[16];
+            for (int i = 0; i < 16; i++) {
+                int at = (py + i / 4) * 16 + px + i % 4;
+                rest[i] = input[at] - p[at];
+            }
+            int[] level = levels(rest, q, false);
+            for (int i = 0; i < 16; i++) {
+                pattern |= level[i] != 0 ? 1 << b / 4 : 0;
+            }
+            for (int i = b % 3; i < 16; i += 3) {
+                Check.due(what + ": LEVEL " + i + " of " + b, v.level(0, b, i), level[i]);
+            }
+        }
+        Check.due(what + ": luma pattern", v.block(0, 3), pattern);
+        boolean atRest = v.vector(0, 0, 0, 2) == 0 && v.vector(0, 0, 0, 0) == 0 && v.vector(0, 0, 0, 1) == 0;
+        boolean isP = v.slice(1) == 0;
+        if (isP) {
+            Check.due(what + ": SKIPPED", v.block(0, 1), pattern + v.block(0, 4) == 0 && atRest ? -1 : 0);
+        }
+    }
+
+    /** A slope and a square that go on by one sample each time, without noise. */
+    private static void going(VideoSuite v, int[] luma, int seed, int step) {
+        paint(v, luma, 1, 9, 7, 60 + seed - 16 * step);
+        paint(v, luma, 4, 2 + step, 2 + step, 230);
+    }
+
+    /** OWN 0, B 2, P 4: the second one waits; input becomes what it was. */
+    private static VideoSuite three(int seed, int[] input, int... settings) {
+        VideoSuite v = open(settings);
+        int way = seed % 5;
+        int[] luma = new int[256];
+        for (int i = 0; i < 3; i++) {
+            if (way == 4 || way == 3) {
+                // going on between noise, or standing
+                going(v, luma, seed, way == 4 ? i : 0);
+            } else if (i == 0 || way == 2) {
+                texture(v, luma, seed);
+            } else if (way == 0) {
+                paint(v, luma, 3, (seed + i) % 3 - 1, (seed / 3 + i) % 3 - 1, 0);
+            }
+            if (way == 2 && i == 1) {
+                paint(v, luma, 0, 100 + seed, 128, 128);
+            }
+            if (way < 3 || i != 1) {
+                paint(v, luma, 2, 3 + seed % 30, 1 + seed % 30 / 2, seed + 5 + i);
+            }
+            v.encode();
+            if (i == 1) {
+                System.arraycopy(luma, 0, input, 0, 256);
+            }
+        }
+        return v;
+    }
+
+    private static void both(int seed) {
+        int q = 14 + seed % 30;
+        int reach = seed % 4;
+        int[] settings = {0, 1, 1, 1, 3, 20, 4, 24, 5, q, 6, 1, 7, 2, 10, reach, 2, seed % 2, 21, seed / 2 % 2 * 2,
+            22, seed / 4 % 2};
+        int[] input = new int[256];
+        VideoSuite v = three(seed, input, settings);
+        v.take();
+        v.decode(4);
+        // the P's VECTOR, for DIRECT by time
+        boolean isMoved = v.block(0, 0) == 3 && seed / 4 % 2 == 0;
+        int[] m = {isMoved ? v.vector(0, 0, 0, 0) : 0, isMoved ? v.vector(0, 0, 0, 1) : 0};
+        v.decode(1);
+        // list 0: ORDER 0, then 4; list 1: 4
+        int[][] list0 = new int[2][];
+        for (int r = 0; r < 2; r++) {
+            list0[r] = shown(() -> three(seed, new int[256], settings), 4 * r);
+        }
+        decide("B of seed " + seed, v, input, list0, reach, q, m);
+    }
+
+    private static int[] mean(int[] a, int[] b) {
+        int[] out = new int[256];
+        for (int i = 0; i < 256; i++) {
+            out[i] = a[i] + b[i] + 1 >> 1;
+        }
+        return out;
+    }
+
+    private static void decide(String what, VideoSuite v, int[] input, int[][] list0, int reach, int q, int[] m) {
+        int price = q / 4 + 1;
+        int[][] list1 = {list0[1]};
+        int[] a = search(input, list0, reach, price);
+        int[] b = search(input, list1, reach, price);
+        int[] two = mean(moved(list0[a[1]], a[2], a[3]), moved(list1[0], b[2], b[3]));
+        // by time in the middle: half of the VECTOR, and that less the whole; else 0 0; the weights are 32 and 32
+        int x0 = 128 * m[0] + 128 >> 8;
+        int y0 = 128 * m[1] + 128 >> 8;
+        int[] direct = mean(moved(list0[0], x0, y0), moved(list1[0], x0 - m[0], y0 - m[1]));
+        int[] costs = {a[0], b[0], differences(input, two) + price * (a[4] + b[4]), differences(input, direct)};
+        int best = 0;
+        for (int i = 1; i < 4; i++) {
+            best = costs[i] < costs[best] ? i : best;
+        }
+        isI(what, v, input, q, costs[best]);
+        if (v.block(0, 0) != 3) {
+            return;
+        }
+        int type = best == 3 ? 0 : best + 1;
+        boolean none = v.block(0, 3) + v.block(0, 4) == 0;
+        Check.due(what + ": type", v.block(0, 1), type == 0 && none ? -1 : type);
+        int[][] due = {{best == 1 ? -1 : best == 3 ? 0 : a[1], best == 1 ? 0 : best == 3 ? x0 : a[2],
+            best == 1 ? 0 : best == 3 ? y0 : a[3]},
+            {best == 0 ? -1 : 0, best == 0 ? 0 : best == 3 ? x0 - m[0] : b[2], best == 0 ? 0 : best == 3 ? y0 - m[1] : b[3]}};
+        for (int l = 0; l < 2; l++) {
+            Check.due(what + ": reference by list " + l, v.vector(0, 0, l, 2), due[l][0]);
+            Check.due(what + ": x by list " + l, v.vector(0, 0, l, 0), due[l][1]);
+            Check.due(what + ": y by list " + l, v.vector(0, 0, l, 1), due[l][2]);
+        }
+        int[] p = best == 0 ? moved(list0[a[1]], a[2], a[3]) : best == 1 ? moved(list1[0], b[2], b[3]) : best == 2 ? two : direct;
+        restOf(what, v, input, p, q);
+    }
+
+    /** One LEVEL that is not EVEN is enough for SIXTEEN's luma pattern. */
+    private static void oneLevel() {
+        for (int more = 4; more < 8; more++) {
+            VideoSuite v = open(0, 1, 1, 1, 3, 12);
+            v.paint(4, 15, 15, 128 + more);
+            v.encode();
+            v.take();
+            v.decode(3);
+            int[] luma = new int[256];
+            java.util.Arrays.fill(luma, 128);
+            luma[255] = 128 + more;
+            isI("a sample " + more + " more", v, luma, 12, Integer.MAX_VALUE);
+            Check.due("P18 luma pattern of one sample " + more + " more", v.block(0, 3), more > 4 ? 15 : 0);
+        }
+    }
+
+    /** Chroma that is flat: EVEN alone, chroma pattern 1; a sample more: 2. */
+    private static void evenAlone() {
+        for (int u = 118; u <= 138; u += 2) {
+            VideoSuite v = open(0, 1, 1, 1, 3, 28);
+            v.paint(0, 128, u, 128);
+            v.encode();
+            v.take();
+            v.decode(3);
+            int w = 4 * 16 * (u - 128);
+            int due = level(w, of(MEASURE, 28, 0, 0), 2 * ((1 << 19) / 3), 20);
+            Check.due("P20 EVEN 4 of " + u, v.level(0, 17, 0), due);
+            Check.due("P18 chroma pattern of " + u, v.block(0, 4), due == 0 ? 0 : 1);
+        }
+        VideoSuite v = open(0, 1, 1, 1, 3, 20);
+        v.paint(2, 90, 45, 1);
+        v.encode();
+        v.take();
+        v.decode(3);
+        Check.due("P18 chroma pattern of noise", v.block(0, 4), 2);
+    }
+}
