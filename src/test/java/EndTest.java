@@ -206,7 +206,8 @@ public final class EndTest {
             Check.due("P10 below one REPAIRED", v.sample(1, 0, 20, 25), 3 * 20 + 4 * 25);
         }
         // its last piece counts; by list 1 alone: 0 0
-        d = s.head(1, 0).at(1, 2).off(1, 0, 0).data().type(3).sub(0, 0, 0, 3).move(40, 0, 0, 0, 0, 0, 0, 0, 0, 0, 0, 0, -12, 24);
+        d = s.head(1, 0).at(1, 2).off(1, 0, 0).data().type(3).sub(0, 0, 0, 3);
+        d.move(40, 0, 0, 0, 0, 0, 0, 0, 0, 0, 0, 0, -12, 24);
         VideoSuite v = decoded(copy(s).add(d.pattern(0).unit()));
         int x = v.vector(0, 15, 0, 0) + 2 >> 2;
         int y = v.vector(0, 15, 0, 1) + 2 >> 2;

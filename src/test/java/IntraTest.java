@@ -582,7 +582,9 @@ public final class IntraTest {
                 int[] level = {-3, 2, 1};
                 Codes.levels(d, 0, 15, level);
                 d.token(Codes.token(1, 0, 0)).token(Codes.token(1, 0, 0)).token(Codes.token(0, 0, 0));
-                d.token(Codes.token(0, 0, 0)).token(Codes.token(0, 0, 0)).token(Codes.token(0, 0, 0)).token(Codes.token(0, 0, 0));
+                for (int i = 0; i < 4; i++) {
+                    d.token(Codes.token(0, 0, 0));
+                }
                 VideoSuite v = shown(s, d);
                 int[] w = left(scaled(new int[] {0, -3, 2, 1}, chromaStep(q, apart)));
                 for (int i = 0; i < 16; i += 3) {

@@ -166,7 +166,8 @@ public final class RangesTest {
 
     /** The first ELEMENTS of a HEADER with FRAME of 4 bits. */
     private static Elements lead(int first, int sort, int pars, int frame) {
-        return new Elements().any("first", 'e', first).any("sort", 'e', sort).ue("PARAMETERS", pars, 3).tells().u("FRAME", 4, frame).tells();
+        return new Elements().any("first", 'e', first).any("sort", 'e', sort).ue("PARAMETERS", pars, 3).tells()
+                .u("FRAME", 4, frame).tells();
     }
 
     private static Elements rules(Elements e) {
