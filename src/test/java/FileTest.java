@@ -140,7 +140,7 @@ public final class FileTest {
                 for (int u = 0; got > 0 && u < v.count(1); u++) {
                     int unit = u;
                     Check.due("P34 way " + way + ", bytes of UNIT " + u, v.unit(u, 2), w.unit(u, 2));
-                    for (int i = 0; i < w.unit(u, 2) && i < 40; i++) {
+                    for (int i = 0; i < w.unit(u, 2) && i < 120; i++) {
                         int at = i;
                         Check.answers("P34 way " + way + ", byte " + i + " of UNIT " + u, w.unitByte(u, i),
                                 () -> v.unitByte(unit, at));
@@ -256,6 +256,8 @@ public final class FileTest {
         Check.due("P35 a stsz of 11", read(join(at8, box("stsz", ints(0, 0), three), stco(8))), refused);
         Check.due("P35 a stsz of 12", read(join(at8, box("stsz", ints(0, 0, 0)), stco(8))), 0);
         Check.due("P35 a stco of 11", read(join(at8, stsz(5), box("stco", ints(0, 1), three))), refused);
+        Check.due("P35 a stco of 11, no pieces", read(join(at8, stsz(), box("stco", ints(0, 1), three))), refused);
+        Check.due("P35 a stco of 12, no pieces", read(join(at8, stsz(), box("stco", ints(0, 1, 0)))), 0);
         Check.due("P35 a stco of 12", read(join(at8, stsz(5), box("stco", ints(0, 1, 8)))), 1);
         Check.due("P35 a stsz of 15 with one", read(join(at8, box("stsz", ints(0, 0, 1), three), stco(8))), refused);
         Check.due("P35 a stsz of 16 with one", read(join(at8, box("stsz", ints(0, 0, 1, 5)), stco(8))), 1);

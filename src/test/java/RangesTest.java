@@ -24,6 +24,7 @@ public final class RangesTest {
         endlessNumbers();
         lastParameters();
         eightWeights();
+        weightsOfBoth();
         numbersOfP();
         Check.end();
     }
@@ -489,6 +490,47 @@ public final class RangesTest {
             Check.due("P14 the weight of the last of " + n, v.sample(1, 0, 5, 5), 100 + n);
             Check.due("P14 of chroma", v.sample(1, 1, 5, 5), 100 - (n - 1));
             Check.due("P14 of the other one", v.sample(1, 2, 5, 5), 100 + 2 * (n - 1));
+        }
+    }
+
+    /** B: those of list 1 stand apart from those of list 0; what isn't told is 2^a, 2^c, 0. */
+    private static void weightsOfBoth() {
+        for (int list = 0; list < 2; list++) {
+            for (int r = 0; r < 8; r++) {
+                Streams s = new Streams();
+                s.both = 1;
+                s.refs = 2;
+                s.lowBits = 8;
+                s.sets().add(s.head(5, 2).raw(100, 100, 100));
+                Bits b = new Bits().ue(0).ue(1).ue(0).u(4, 1).u(8, 2).u(1, 1).u(1, 1).ue(7).ue(7);
+                for (int l = 0; l < 2; l++) {
+                    b.u(1, 1);
+                    for (int i = 0; i < 8; i++) {
+                        b.ue(0).ue(i == 0 ? 0 : 15);
+                    }
+                    b.ue(3);
+                }
+                b.ue(2).ue(3);
+                for (int i = 0; i < 16; i++) {
+                    // every other one is told
+                    b.u(1, i % 2);
+                    if (i % 2 == 1) {
+                        b.se(4).se(i + 1);
+                    }
+                    b.u(1, i / 2 % 2);
+                    if (i / 2 % 2 == 1) {
+                        b.se(8).se(-i).se(8).se(2 * i);
+                    }
+                }
+                b.se(0).ue(1).ue(0).ue(1 + list).ue(r).se(0).se(0).ue(0);
+                VideoSuite v = decoded(s, b.unit(0x01));
+                Check.due("FAULTS", v.count(4), 0);
+                v.flush();
+                int i = 8 * list + r;
+                Check.due("P14 luma by entry " + i, v.sample(1, 0, 5, 5), i % 2 == 1 ? 101 + i : 100);
+                Check.due("P14 chroma by entry " + i, v.sample(1, 1, 5, 5), i / 2 % 2 == 1 ? 100 - i : 100);
+                Check.due("P14 the other one by entry " + i, v.sample(1, 2, 5, 5), i / 2 % 2 == 1 ? 100 + 2 * i : 100);
+            }
         }
     }
 

@@ -905,9 +905,9 @@ public final class StoreTest {
     private static void latestReferenceStays() {
         Streams s = gaps(1);
         s.lowBits = 16;
-        s.sets().add(s.head(5, 2).at(0, 5000).raw(77, 66, 55));
-        int frame = 0;
-        for (int i = 0; i < 14; i++) {
+        s.sets().add(s.head(5, 2).at(0, 5000).raw(1, 1, 1)).add(s.head(1, 2).at(1, 4000).raw(77, 66, 55));
+        int frame = 1;
+        for (int i = 0; i < 13; i++) {
             // each is out at once; before each two are made up
             frame = (frame + 3) % 16;
             s.add(s.head(1, 2).at(frame, 100 + i).ref(0).raw(i, i, i));
@@ -915,7 +915,7 @@ public final class StoreTest {
         }
         s.add(s.head(1, 0).at((frame + 3) % 16, 200).ref(0).skipped(1));
         VideoSuite v = s.object();
-        v.decode(3);
+        v.decode(4);
         v.flush();
         v.decode(400);
         v.flush();
@@ -942,6 +942,18 @@ public final class StoreTest {
             Check.due("P10 by the one before, " + i, v.sample(2 * i + 1, 0, 20, 5), 80 + i);
             Check.due("P10 its chroma, " + i, v.sample(2 * i + 1, 1, 12, 5), 2);
         }
+        // way 3, moved to where the one that is REPAIRED has other samples
+        Streams t = sets(1).size(2, 1).sets();
+        t.add(t.head(5, 2).at(0, 100).raw(50, 50, 50, 60, 60, 60));
+        t.add(t.head(1, 2).at(1, 10).ref(0).raw(70, 1, 1, 80, 2, 2));
+        t.add(t.head(1, 0).at(1, 11).ref(0).data().type(0).move(-64, 0).pattern(0).unit());
+        v = t.object();
+        v.repair(3);
+        v.decode(400);
+        v.flush();
+        Check.due("P14 by list 0", v.sample(1, 0, 5, 5), 50);
+        Check.due("P10 by the one before, moved", v.sample(1, 0, 20, 5), 70);
+        Check.due("P10 its chroma, moved", v.sample(1, 2, 12, 5), 1);
     }
 
     private static String told(VideoSuite v) {
