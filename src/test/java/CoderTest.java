@@ -20,6 +20,7 @@ public final class CoderTest {
         rawPicture();
         budget();
         roundTrips();
+        directGone();
         limits();
         taken();
         codedTold();
@@ -510,6 +511,38 @@ public final class CoderTest {
                 Check.due("P33 sum and ORDER of " + seed + ", " + k, found > 0 ? 1 : 0, 1);
             }
         }
+    }
+
+    /** By time DIRECT is 4 where a REFERENCE of the ANCHOR behind has gone: type 1, sub 1, and not SKIPPED. */
+    private static void directGone() {
+        int withoutDirect = 0;
+        for (int seed = 0; seed < 60; seed++) {
+            VideoSuite v = open(0, 2, 1, 1 + seed % 2, 2, seed / 2 % 2, 6, 1 + seed / 4 % 2, 7, 2 + seed / 8 % 2, 8, 1, 9, seed * 31, 22, 0,
+                    13, 1);
+            v.paint(2, 90, 45, seed);
+            for (int i = 0; i < 17; i++) {
+                v.paint(2, 60, 30, seed + i);
+                v.encode();
+            }
+            int n = v.finish();
+            v.take();
+            while (v.decode(1) > 0) {
+                boolean isB = v.count(7) > 0 && v.slice(1) == 1;
+                for (int mb = 0; isB && mb < 2; mb++) {
+                    withoutDirect += v.block(mb, 1) == 1 ? 1 : 0;
+                }
+            }
+            Check.due("P29 outputs by time of " + seed, v.flush(), n);
+            Check.due("P29 no FAULTS by time of " + seed, v.count(4), 0);
+            for (int k = 0; k < n; k++) {
+                int found = 0;
+                for (int j = 0; j < n; j++) {
+                    found += v.picture(j, 2) == v.coded(k, 4) && v.sum(j, 0) == v.coded(k, 5) ? 1 : 0;
+                }
+                Check.due("P33 sum by time of " + seed + ", " + k, found > 0 ? 1 : 0, 1);
+            }
+        }
+        Check.due("B of type 1 there were", withoutDirect > 40 ? 1 : 0, 1);
     }
 
     private static void limits() {

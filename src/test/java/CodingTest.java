@@ -291,6 +291,20 @@ public final class CodingTest {
             Check.due("P29 below 500 BLOCKS", v.encode(), i + 1);
         }
         Check.refused("P29 500 BLOCKS", v::encode);
+        // 32 BLOCKS 15 times, then, behind another OPEN, one by one: 499 are below 500
+        VideoSuite o = open(0, 8, 1, 4, 3, 51, 4, 51, 10, 0);
+        for (int i = 0; i < 15; i++) {
+            o.encode();
+        }
+        o.setting(0, 1);
+        o.setting(1, 1);
+        o.open();
+        for (int i = 0; i < 20; i++) {
+            Check.answers("P29 " + (480 + i) + " BLOCKS", i + 1, o::encode);
+        }
+        Check.refused("P29 500 BLOCKS ever", o::encode);
+        o.open();
+        Check.refused("P29 500 BLOCKS ever, behind OPEN", o::encode);
         // 18 SLICES: 21 PICTURES are 378 UNITS, with the SETS 380
         VideoSuite u = open(0, 6, 1, 3, 3, 51, 4, 51, 10, 0, 11, 1);
         for (int i = 0; i < 21; i++) {
@@ -541,6 +555,13 @@ public final class CodingTest {
             v.decode(3);
             Check.due("P18 colours' mode " + way, v.block(way == 1 ? 1 : 2, 5), way);
         }
+        // from row to row and from column to column: the plane, where all it needs is THERE
+        VideoSuite v = open(0, 2, 1, 2, 3, 12);
+        v.paint(1, 2, 2, 0);
+        v.encode();
+        v.take();
+        v.decode(3);
+        Check.due("P18 colours' mode 3", v.block(3, 5), 3);
     }
 
     private static void colours128() {

@@ -5,10 +5,7 @@ import java.util.Random;
  * the OUTPUTS before it, and the LEVELS of what is left.
  */
 public final class CostsTest {
-    private static final int[] SCAN_X = {0, 1, 0, 0, 1, 2, 3, 2, 1, 0, 1, 2, 3, 3, 2, 3};
-    private static final int[] SCAN_Y = {0, 0, 1, 2, 1, 0, 0, 1, 2, 3, 3, 2, 1, 2, 3, 3};
-    private static final int[] NORM = Codes.numbers(Codes.between("of row q % 6 of", ": the first for x, y both even"));
-    private static final int[] MEASURE = Codes.numbers(Codes.between("MF(q, x, y) as NORM of", "; f ="));
+    private static final Costs.Near ALONE = new Costs.Near();
 
     public static void main(String[] args) {
         for (int seed = 0; seed < 60; seed++) {
@@ -34,173 +31,6 @@ public final class CostsTest {
         return v;
     }
 
-    private static int clip(int x) {
-        return x < 0 ? 0 : x > 255 ? 255 : x;
-    }
-
-    private static int of(int[] table, int q, int x, int y) {
-        return table[3 * (q % 6) + (x % 2 == 0 && y % 2 == 0 ? 0 : x % 2 == 1 && y % 2 == 1 ? 2 : 1)];
-    }
-
-    /** W of a piece, row by row. */
-    private static int[] turned(int[] x) {
-        int[][] f = {{1, 1, 1, 1}, {2, 1, -1, -2}, {1, -1, -1, 1}, {1, -2, 2, -1}};
-        int[] w = new int[16];
-        for (int i = 0; i < 16; i++) {
-            for (int k = 0; k < 16; k++) {
-                w[i] += f[i / 4][k / 4] * x[k] * f[i % 4][k % 4];
-            }
-        }
-        return w;
-    }
-
-    private static int level(int w, int measure, int add, int shift) {
-        int size = Math.abs(w) * measure + add >> shift;
-        return w < 0 ? -size : size;
-    }
-
-    /** LEVELS by SCAN of what is left of a piece. */
-    private static int[] levels(int[] left, int q, boolean isI) {
-        int[] w = turned(left);
-        int[] out = new int[16];
-        for (int i = 0; i < 16; i++) {
-            int add = (1 << 15 + q / 6) / (isI ? 3 : 6);
-            out[i] = level(w[4 * SCAN_Y[i] + SCAN_X[i]], of(MEASURE, q, SCAN_X[i], SCAN_Y[i]), add, 15 + q / 6);
-        }
-        return out;
-    }
-
-    /** What is predicted, and what LEVELS add to it. */
-    private static int[] filled(int[] predicted, int[] level, int q) {
-        int[] w = new int[16];
-        for (int i = 0; i < 16; i++) {
-            w[4 * SCAN_Y[i] + SCAN_X[i]] = level[i] * of(NORM, q, SCAN_X[i], SCAN_Y[i]) << q / 6;
-        }
-        for (int pass = 0; pass < 2; pass++) {
-            int step = pass == 0 ? 1 : 4;
-            for (int i = 0; i < 4; i++) {
-                int k = pass == 0 ? 4 * i : i;
-                int e = w[k] + w[k + 2 * step];
-                int f = w[k] - w[k + 2 * step];
-                int g = (w[k + step] >> 1) - w[k + 3 * step];
-                int h = w[k + step] + (w[k + 3 * step] >> 1);
-                w[k] = e + h;
-                w[k + step] = f + g;
-                w[k + 2 * step] = f - g;
-                w[k + 3 * step] = e - h;
-            }
-        }
-        for (int i = 0; i < 16; i++) {
-            w[i] = clip(predicted[i] + (w[i] + 32 >> 6));
-        }
-        return w;
-    }
-
-    private static int e(int[] row, int k) {
-        return row[4 + k];
-    }
-
-    private static int m3(int a, int b, int c) {
-        return a + 2 * b + c + 2 >> 2;
-    }
-
-    private static int slanted(int[] row, int x, int y, int way) {
-        int k = x - (y >> 1);
-        int v = 2 * x - y;
-        if (v >= 0 && v % 2 == 0) {
-            return e(row, way * k) + e(row, way * (k + 1)) + 1 >> 1;
-        }
-        int c = v > 0 ? k : v == -1 ? 0 : 1 - y;
-        return m3(e(row, way * (c - 1)), e(row, way * c), e(row, way * (c + 1)));
-    }
-
-    /** A piece by a mode; row is E of it. */
-    private static int[] four(int mode, int[] row, boolean left, boolean above) {
-        int[] out = new int[16];
-        int l = e(row, -1) + e(row, -2) + e(row, -3) + e(row, -4);
-        int t = e(row, 1) + e(row, 2) + e(row, 3) + e(row, 4);
-        for (int i = 0; i < 16; i++) {
-            int x = i % 4;
-            int y = i / 4;
-            int k = 1 + x + (y >> 1);
-            int d = -1 - y - (x >> 1);
-            int v = x + 2 * y;
-            switch (mode) {
-                case 0 -> out[i] = e(row, 1 + x);
-                case 1 -> out[i] = e(row, -1 - y);
-                case 2 -> out[i] = left && above ? l + t + 4 >> 3 : left ? l + 2 >> 2 : above ? t + 2 >> 2 : 128;
-                case 3 -> out[i] = i == 15 ? m3(e(row, 7), e(row, 8), e(row, 8))
-                        : m3(e(row, 1 + x + y), e(row, 2 + x + y), e(row, 3 + x + y));
-                case 4 -> out[i] = m3(e(row, x - y - 1), e(row, x - y), e(row, x - y + 1));
-                case 5 -> out[i] = slanted(row, x, y, 1);
-                case 6 -> out[i] = slanted(row, y, x, -1);
-                case 7 -> out[i] = y % 2 == 0 ? e(row, k) + e(row, k + 1) + 1 >> 1 : m3(e(row, k), e(row, k + 1), e(row, k + 2));
-                default -> out[i] = v > 5 ? e(row, -4) : v == 5 ? m3(e(row, -3), e(row, -4), e(row, -4))
-                        : v % 2 == 0 ? e(row, d) + e(row, d - 1) + 1 >> 1 : m3(e(row, d), e(row, d - 1), e(row, d - 2));
-            }
-        }
-        return out;
-    }
-
-    private static final int[] MODES = new int[16];
-    private static final int[][] LEVELS = new int[16][];
-
-    /** FOUR's cost; its modes and LEVELS are noted. */
-    private static int costOfFour(int[] input, int q) {
-        int[] shown = new int[256];
-        int cost = 0;
-        int bits = 8;
-        for (int b = 0; b < 16; b++) {
-            int px = b / 4 % 2 * 8 + b % 2 * 4;
-            int py = b / 8 * 8 + b / 2 % 2 * 4;
-            boolean left = px > 0;
-            boolean above = py > 0;
-            int[] row = new int[13];
-            boolean behind = above && px < 12 && number(px + 4, py - 4) < b && b != 3 && b != 11;
-            for (int i = 0; i < 4; i++) {
-                row[3 - i] = left ? shown[(py + i) * 16 + px - 1] : 0;
-                row[5 + i] = above ? shown[(py - 1) * 16 + px + i] : 0;
-            }
-            row[4] = left && above ? shown[(py - 1) * 16 + px - 1] : 0;
-            for (int i = 4; i < 8; i++) {
-                row[5 + i] = behind ? shown[(py - 1) * 16 + px + i] : row[8];
-            }
-            String may = left && above ? "012345678" : left ? "128" : above ? "0237" : "2";
-            int guess = !left || !above ? 2 : Math.min(MODES[number(px - 4, py)], MODES[number(px, py - 4)]);
-            int least = Integer.MAX_VALUE;
-            int[] best = null;
-            for (int k = 0; k < may.length(); k++) {
-                int mode = may.charAt(k) - '0';
-                int[] p = four(mode, row, left, above);
-                int d = 0;
-                for (int i = 0; i < 16; i++) {
-                    d += Math.abs(input[(py + i / 4) * 16 + px + i % 4] - p[i]);
-                }
-                if (d < least) {
-                    least = d;
-                    best = p;
-                    MODES[b] = mode;
-                }
-            }
-            cost += least;
-            bits += MODES[b] == guess ? 1 : 4;
-            int[] rest = new int[16];
-            for (int i = 0; i < 16; i++) {
-                rest[i] = input[(py + i / 4) * 16 + px + i % 4] - best[i];
-            }
-            LEVELS[b] = levels(rest, q, true);
-            int[] f = filled(best, LEVELS[b], q);
-            for (int i = 0; i < 16; i++) {
-                shown[(py + i / 4) * 16 + px + i % 4] = f[i];
-            }
-        }
-        return cost + (q / 4 + 1) * bits;
-    }
-
-    private static int number(int x, int y) {
-        return y / 8 * 8 + x / 8 * 4 + y / 4 % 2 * 2 + x / 4 % 2;
-    }
-
     private static int costOfSixteen(int[] input, int q) {
         int d = 0;
         for (int x : input) {
@@ -209,45 +39,30 @@ public final class CostsTest {
         return d + (q / 4 + 1) * 8;
     }
 
-    /** Luma of INPUT as these calls paint it: one BLOCK. */
     private static void paint(VideoSuite v, int[] luma, int how, int a, int b, int c) {
-        v.paint(how, a, b, c);
-        int s = c;
-        int[] was = luma.clone();
-        for (int i = 0; i < 256; i++) {
-            int x = i % 16;
-            int y = i / 16;
-            if (how == 0) {
-                luma[i] = a & 255;
-            } else if (how == 1) {
-                luma[i] = a * x + b * y + c & 255;
-            } else if (how == 2) {
-                s = 1664525 * s + 1013904223;
-                luma[i] = clip(luma[i] + (s >>> 24) % a - b);
-            } else if (how == 3) {
-                luma[i] = was[Math.max(0, Math.min(15, y - b)) * 16 + Math.max(0, Math.min(15, x - a))];
-            } else if (x >= a && x < a + 8 && y >= b && y < b + 8) {
-                luma[i] = c;
-            }
-        }
+        Costs.paint(v, luma, 16, how, a, b, c);
+    }
+
+    private static int[] moved(int[] p, int mx, int my) {
+        return Costs.moved(p, 16, 0, 0, mx, my);
     }
 
     /** The BLOCK of the PICTURE that was decoded last is I: as is told by costs. */
     private static void isI(String what, VideoSuite v, int[] input, int q, int least) {
         int sixteen = costOfSixteen(input, q);
-        int four = costOfFour(input, q);
+        int four = Costs.costOfFour(input, q, ALONE);
         int kind = Math.min(sixteen, four) >= least ? 3 : sixteen <= four ? 1 : 0;
         Check.due(what + ": kind", v.block(0, 0), kind);
         for (int b = 0; b < 16 && kind == 0; b++) {
-            Check.due(what + ": mode of " + b, v.block(0, 8 + b), MODES[b]);
+            Check.due(what + ": mode of " + b, v.block(0, 8 + b), Costs.MODES[b]);
             boolean isTold = (v.block(0, 3) >> b / 4 & 1) == 1;
             boolean has = false;
             for (int i = 0; i < 16; i++) {
-                has |= LEVELS[b][i] != 0;
+                has |= Costs.LEVELS[b][i] != 0;
             }
             Check.due(what + ": a quarter's bit", has && !isTold ? 1 : 0, 0);
             for (int i = 0; i < 16; i += 3) {
-                Check.due(what + ": LEVEL " + i + " of " + b, v.level(0, b, i), LEVELS[b][i]);
+                Check.due(what + ": LEVEL " + i + " of " + b, v.level(0, b, i), Costs.LEVELS[b][i]);
             }
         }
         if (kind == 1) {
@@ -265,8 +80,8 @@ public final class CostsTest {
             for (int i = 0; i < 16; i++) {
                 rest[b][i] = input[(py + i / 4) * 16 + px + i % 4] - 128;
             }
-            even[py + px / 4] = turned(rest[b])[0];
-            rest[b] = levels(rest[b], q, true);
+            even[py + px / 4] = Costs.turned(rest[b])[0];
+            rest[b] = Costs.levels(rest[b], q, true);
             for (int i = 1; i < 16; i++) {
                 all += rest[b][i] != 0 ? 1 : 0;
             }
@@ -281,10 +96,10 @@ public final class CostsTest {
         for (int i = 0; i < 16; i++) {
             int w = 0;
             for (int k = 0; k < 16; k++) {
-                w += m[SCAN_Y[i]][k / 4] * even[k] * m[k % 4][SCAN_X[i]];
+                w += m[Costs.SCAN_Y[i]][k / 4] * even[k] * m[k % 4][Costs.SCAN_X[i]];
             }
             int add = 2 * ((1 << 15 + q / 6) / 3);
-            Check.due(what + ": EVEN 16, " + i, v.level(0, 16, i), level(w / 2, of(MEASURE, q, 0, 0), add, 16 + q / 6));
+            Check.due(what + ": EVEN 16, " + i, v.level(0, 16, i), Costs.level(w / 2, Costs.of(Costs.MEASURE, q, 0, 0), add, 16 + q / 6));
         }
     }
 
@@ -312,64 +127,6 @@ public final class CostsTest {
 
     // ---- lists
 
-    private static int at(int[] p, int x, int y) {
-        return p[Math.max(0, Math.min(15, y)) * 16 + Math.max(0, Math.min(15, x))];
-    }
-
-    private static int tap(int a, int b, int c, int d, int e, int f) {
-        return a - 5 * b + 20 * c + 20 * d - 5 * e + f;
-    }
-
-    private static int across(int[] p, int x, int y) {
-        return tap(at(p, x - 2, y), at(p, x - 1, y), at(p, x, y), at(p, x + 1, y), at(p, x + 2, y), at(p, x + 3, y));
-    }
-
-    private static int down(int[] p, int x, int y) {
-        return clip(tap(at(p, x, y - 2), at(p, x, y - 1), at(p, x, y), at(p, x, y + 1), at(p, x, y + 2), at(p, x, y + 3))
-                + 16 >> 5);
-    }
-
-    private static int quarter(int[] p, int x4, int y4) {
-        int x = x4 >> 2;
-        int y = y4 >> 2;
-        int g = at(p, x, y);
-        int b = clip(across(p, x, y) + 16 >> 5);
-        int h = down(p, x, y);
-        int s = clip(across(p, x, y + 1) + 16 >> 5);
-        int m = down(p, x + 1, y);
-        int j = clip(tap(across(p, x, y - 2), across(p, x, y - 1), across(p, x, y), across(p, x, y + 1), across(p, x, y + 2),
-                across(p, x, y + 3)) + 512 >> 10);
-        int[][] of = {{g, g}, {g, h}, {h, h}, {h, at(p, x, y + 1)}, {g, b}, {b, h}, {h, j}, {h, s}, {b, b}, {b, j}, {j, j},
-            {j, s}, {b, at(p, x + 1, y)}, {b, m}, {j, m}, {s, m}};
-        int[] two = of[4 * (x4 & 3) + (y4 & 3)];
-        return two[0] + two[1] + 1 >> 1;
-    }
-
-    private static int[] moved(int[] p, int mx, int my) {
-        int[] out = new int[256];
-        for (int i = 0; i < 256; i++) {
-            out[i] = quarter(p, 4 * (i % 16) + mx, 4 * (i / 16) + my);
-        }
-        return out;
-    }
-
-    private static int differences(int[] input, int[] p) {
-        int d = 0;
-        for (int i = 0; i < 256; i++) {
-            d += Math.abs(input[i] - p[i]);
-        }
-        return d;
-    }
-
-    private static int bitsOfSe(int v) {
-        return 2 * (31 - Integer.numberOfLeadingZeros((v > 0 ? 2 * v - 1 : -2 * v) + 1)) + 1;
-    }
-
-    private static int bits(int n, int r, int x, int y) {
-        int ofR = n == 1 ? 0 : n == 2 ? 1 : 2 * (31 - Integer.numberOfLeadingZeros(r + 1)) + 1;
-        return bitsOfSe(x) + bitsOfSe(y) + ofR;
-    }
-
     /** cost, reference, x, y, bits of the best of a list; the GUESS is 0 0. */
     private static int[] search(int[] input, int[][] list, int reach, int price) {
         int[] best = {Integer.MAX_VALUE, 0, 0, 0, 0};
@@ -395,8 +152,8 @@ public final class CostsTest {
     }
 
     private static void offer(int[] mine, int[] input, int[][] list, int r, int x, int y, int price) {
-        int bits = bits(list.length, r, x, y);
-        int cost = differences(input, moved(list[r], x, y)) + price * bits;
+        int bits = Costs.bits(list.length, r, x, y);
+        int cost = Costs.differences(input, moved(list[r], x, y)) + price * bits;
         if (cost < mine[0]) {
             mine[0] = cost;
             mine[2] = x;
@@ -490,7 +247,7 @@ public final class CostsTest {
                 int at = (py + i / 4) * 16 + px + i % 4;
                 rest[i] = input[at] - p[at];
             }
-            int[] level = levels(rest, q, false);
+            int[] level = Costs.levels(rest, q, false);
             for (int i = 0; i < 16; i++) {
                 pattern |= level[i] != 0 ? 1 << b / 4 : 0;
             }
@@ -579,7 +336,7 @@ public final class CostsTest {
         int x0 = 128 * m[0] + 128 >> 8;
         int y0 = 128 * m[1] + 128 >> 8;
         int[] direct = mean(moved(list0[0], x0, y0), moved(list1[0], x0 - m[0], y0 - m[1]));
-        int[] costs = {a[0], b[0], differences(input, two) + price * (a[4] + b[4]), differences(input, direct)};
+        int[] costs = {a[0], b[0], Costs.differences(input, two) + price * (a[4] + b[4]), Costs.differences(input, direct)};
         int best = 0;
         for (int i = 1; i < 4; i++) {
             best = costs[i] < costs[best] ? i : best;
@@ -628,7 +385,7 @@ public final class CostsTest {
             v.take();
             v.decode(3);
             int w = 4 * 16 * (u - 128);
-            int due = level(w, of(MEASURE, 28, 0, 0), 2 * ((1 << 19) / 3), 20);
+            int due = Costs.level(w, Costs.of(Costs.MEASURE, 28, 0, 0), 2 * ((1 << 19) / 3), 20);
             Check.due("P20 EVEN 4 of " + u, v.level(0, 17, 0), due);
             Check.due("P18 chroma pattern of " + u, v.block(0, 4), due == 0 ? 0 : 1);
         }
