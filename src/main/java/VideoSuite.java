@@ -5597,9 +5597,8 @@ public final class VideoSuite {
                 }
             }
             if (kind == SIXTEEN || pattern > 0) {
-                int more = q - step;
-                more = more > 25 ? more - 52 : more < -26 ? more + 52 : more;
-                writer.se(E_MORE, more);
+                // both are within 2 of the SLICE's STEP
+                writer.se(E_MORE, q - step);
                 step = q;
             }
             work.info[at + Work.STEP] = step;
