@@ -534,12 +534,13 @@ public final class CoderTest {
             }
             Check.due("P29 outputs by time of " + seed, v.flush(), n);
             Check.due("P29 no FAULTS by time of " + seed, v.count(4), 0);
+            int[] sum = new int[2 * n];
+            for (int j = 0; j < n; j++) {
+                sum[v.picture(j, 2) / 2] = v.sum(j, 0);
+                sum[n + v.coded(j, 4) / 2] = v.coded(j, 5);
+            }
             for (int k = 0; k < n; k++) {
-                int found = 0;
-                for (int j = 0; j < n; j++) {
-                    found += v.picture(j, 2) == v.coded(k, 4) && v.sum(j, 0) == v.coded(k, 5) ? 1 : 0;
-                }
-                Check.due("P33 sum by time of " + seed + ", " + k, found > 0 ? 1 : 0, 1);
+                Check.due("P33 sum by time of " + seed + ", ORDER " + 2 * k, sum[n + k], sum[k]);
             }
         }
         Check.due("B of type 1 there were", withoutDirect > 40 ? 1 : 0, 1);

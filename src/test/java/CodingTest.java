@@ -470,22 +470,29 @@ public final class CodingTest {
 
     /** RAW of 0: bytes 0 with a 3 between; the UNIT's bytes count with them. */
     private static void zerosMade() {
-        VideoSuite v = open(0, 1, 1, 1, 17, 1);
-        v.paint(0, 0, 0, 0);
-        v.encode();
-        v.take();
+        VideoSuite v = allZero();
         int n = v.unit(2, 2);
         Check.due("P5 bytes 3 are left out", n - v.unit(2, 3) > 180 ? 1 : 0, 1);
         Check.due("P33 they count", v.coded(0, 0), 8 * n);
         int zeros = 0;
+        // an object answers 512 calls alone
+        VideoSuite w = allZero();
         for (int i = 0; i < n; i++) {
-            int b = v.unitByte(2, i);
+            int b = (i < 300 ? v : w).unitByte(2, i);
             Check.due("P29 two 0 and less than 3 never stand so", zeros > 1 && b < 3 ? 1 : 0, 0);
             zeros = b == 0 ? zeros + 1 : 0;
         }
         v.decode(3);
         v.flush();
         Check.due("P14 all are 0", v.histogram(0, 0, 0) + v.histogram(0, 1, 0) + v.histogram(0, 2, 0), 384);
+    }
+
+    private static VideoSuite allZero() {
+        VideoSuite v = open(0, 1, 1, 1, 17, 1);
+        v.paint(0, 0, 0, 0);
+        v.encode();
+        v.take();
+        return v;
     }
 
     private static void skippedByCosts() {
@@ -715,9 +722,13 @@ public final class CodingTest {
             v.take();
             // eight rows of 0 0 c; where c is 0, too, three 0
             Check.due("P29 bytes put in before " + c, v.unit(2, 2) - v.unit(2, 3), c < 4 ? 8 : 0);
+            int n = v.unit(2, 2);
             int at = 0;
-            for (int i = 2; i < v.unit(2, 2); i++) {
-                at += v.unitByte(2, i - 2) == 0 && v.unitByte(2, i - 1) == 0 && v.unitByte(2, i) == (c < 4 ? 3 : c) ? 1 : 0;
+            int zeros = 0;
+            for (int i = 0; i < n; i++) {
+                int b = v.unitByte(2, i);
+                at += zeros > 1 && b == (c < 4 ? 3 : c) ? 1 : 0;
+                zeros = b == 0 ? zeros + 1 : 0;
             }
             Check.due("P29 behind two 0 stands it", at, 8);
         }

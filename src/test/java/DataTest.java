@@ -27,6 +27,7 @@ public final class DataTest {
             stepsBehindOthers();
         }
         runs();
+        withoutStop();
         quarteredByNone();
         beginOfArith();
         endOfArith();
@@ -51,6 +52,15 @@ public final class DataTest {
         Data d = s.sets().head(5, 2).data();
         for (int mb = 0; mb < s.width * s.height; mb++) {
             d.type(25).raw(40 + 10 * mb, 60, 90);
+        }
+        return s.add(d.unit());
+    }
+
+    /** An OWN picture that is 128 all over: less to feed than RAW ones. */
+    private static Streams grey(Streams s) {
+        Data d = s.sets().head(5, 2).data();
+        for (int mb = 0; mb < s.width * s.height; mb++) {
+            d.type(3).colours(0).more(0).token("1");
         }
         return s.add(d.unit());
     }
@@ -662,6 +672,21 @@ public final class DataTest {
         fault("a run of 0, BITS end", v, b.length() + 1, END);
     }
 
+    /** STOP is the last bit 1, also one of an ELEMENT: behind that there isn't MORE. */
+    private static void withoutStop() {
+        coding = 0;
+        Streams s = own(sets(3, 2, 1));
+        for (int run = 1; run < 7; run++) {
+            VideoSuite v = decoded(s, s.head(1, 0).at(1, 2).bits().ue(run).plain(0x21));
+            Check.due("a run of " + run + " without STOP: FAULTS", v.count(4), 0);
+            Check.due("a run of " + run + " without STOP", v.slice(16), run);
+        }
+        VideoSuite v = decoded(s, s.head(5, 2).data().type(25).raw(255, 0, 0).cut());
+        Check.due("RAW without STOP: FAULTS", v.count(4), 0);
+        Check.due("RAW without STOP", v.slice(16), 1);
+        Check.due("RAW without STOP: STOP", v.unit(3, 4) < 8 * (v.unit(3, 3) - 129) ? 1 : 0, 1);
+    }
+
     /** P type 4: no references are read; in ARITH it is OUT. */
     private static void quarteredByNone() {
         coding = 0;
@@ -745,7 +770,7 @@ public final class DataTest {
     private static void manyDecisions() {
         coding = 1;
         Streams s = sets(8, 4, 1);
-        own(s);
+        grey(s);
         Data d = s.head(1, 0).at(1, 2).data();
         for (int mb = 0; mb < 32; mb++) {
             four(d.type(5));
@@ -791,7 +816,7 @@ public final class DataTest {
         coding = 1;
         java.util.Random chance = new java.util.Random(17);
         Streams s = sets(8, 4, 2);
-        own(s);
+        grey(s);
         s.add(s.head(1, 2).at(1, 8).data().type(25).raw(1).unit());
         for (int i = 0; i < 60; i++) {
             Data d = s.head(1, 0).at(2, 4).n(2).data();
@@ -822,7 +847,7 @@ public final class DataTest {
                 d.type(3).colours(0).more(0).token("1");
             }
             Check.due(by("32 BLOCKS"), behind("one behind 32", s, d).slice(16), 32);
-            own(s);
+            grey(s);
             d = s.head(1, 0).at(1, 2).data();
             for (int mb = 0; mb < 32; mb++) {
                 d.type(0).move(0, 0).pattern(0);

@@ -137,10 +137,11 @@ public final class FileTest {
                 // what lies before a place is cut off by lengths that lead there, so each way shows other bytes
                 long got = Check.told(() -> v.split(k));
                 Check.due("P34 SPLIT by way " + way + " of " + n, got, Check.told(() -> w.split(k)));
-                for (int u = 0; got > 0 && u < v.count(1); u++) {
+                for (int u = 0; u < got; u++) {
                     int unit = u;
-                    Check.due("P34 way " + way + ", bytes of UNIT " + u, v.unit(u, 2), w.unit(u, 2));
-                    for (int i = 0; i < w.unit(u, 2) && i < 120; i++) {
+                    int bytes = w.unit(u, 2);
+                    Check.due("P34 way " + way + ", bytes of UNIT " + u, v.unit(u, 2), bytes);
+                    for (int i = 0; i < bytes && i < 120; i++) {
                         int at = i;
                         Check.answers("P34 way " + way + ", byte " + i + " of UNIT " + u, w.unitByte(u, i),
                                 () -> v.unitByte(unit, at));
@@ -361,9 +362,24 @@ public final class FileTest {
         Check.due("P37 just enough at last", w.buffer(50, 120), -1);
         Check.due("P37 one less at last", w.buffer(49, 120), 4);
         Check.due("P37 most", v.buffer(1 << 30, 1 << 30), -1);
+        othersInBuffer();
         Check.bad("P37 rate -1", () -> v.buffer(-1, 0));
         Check.bad("P37 size -1", () -> v.buffer(0, -1));
         Check.bad("P37 rate above", () -> v.buffer((1 << 30) + 1, 0));
         Check.bad("P37 size above", () -> v.buffer(0, (1 << 30) + 1));
+    }
+
+    /** UNITS of other TYPES take nothing, and bring no rate. */
+    private static void othersInBuffer() {
+        for (int lead : new int[] {0x67, 0x68, 0x06, 0x00, 0x02, 0x1f, 0xe7}) {
+            VideoSuite v = new VideoSuite();
+            Streams.feed(v, Streams.bytes(0, 0, 1, lead, 1, 1, 1, 1, 1, 1, 0, 0, 1, 0x65, 1, 0, 0, 1, lead, 1, 0, 0, 1, 0x21,
+                    1));
+            v.split(0);
+            Check.due("P37 bytes of " + lead, v.buffer(16, 16), -1);
+            Check.due("P37 no rate by " + lead, v.buffer(15, 16), 3);
+            Check.due("P37 no rate by " + lead, v.buffer(8, 16), 3);
+            Check.due("P37 the first that it can't take, beside " + lead, v.buffer(0, 15), 1);
+        }
     }
 }

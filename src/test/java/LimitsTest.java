@@ -173,6 +173,13 @@ public final class LimitsTest {
             } else {
                 Check.due("P11 EFFORT 15999", v.decode(1), 1);
                 Check.due("P11 nothing is left", v.decode(1), 0);
+                // it is looked at before, not while the UNITS are decoded
+                v.anew();
+                Check.due("P11 EFFORT 15999", v.decode(400), 12);
+                v.anew();
+                Check.refused("P11 EFFORT above 16000", () -> v.decode(400));
+                Check.bad("P11 bad before REFUSED", () -> v.decode(401));
+                Check.due("P11 nothing was decoded", v.count(2), 0);
             }
         }
     }

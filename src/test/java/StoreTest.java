@@ -868,7 +868,8 @@ public final class StoreTest {
         int frame = 0;
         for (int i = 1; i < 40; i++) {
             frame = (frame + (i % 3 == 0 ? 3 : 1)) % 16;
-            s.add(i % 2 == 0 ? s.head(1, 0).at(frame, 10 * i).skipped(1) : s.head(1, 2).at(frame, 10 * i).raw(i, i, i));
+            s.add(i % 2 == 0 ? s.head(1, 0).at(frame, 10 * i).skipped(1)
+                    : s.head(1, 2).at(frame, 10 * i).data().type(3).colours(0).more(0).token("1").unit());
         }
         VideoSuite v = s.object();
         v.decode(3);
@@ -893,11 +894,13 @@ public final class StoreTest {
                 Check.due("P22 made up before " + i, n > 0 ? 1 : 0, 1);
             }
         }
-        v.flush();
+        VideoSuite w = s.object();
+        w.decode(400);
+        w.flush();
         for (int k = 0; k < 40; k++) {
-            Check.due("P13 ORDER of " + k, v.picture(k, 2), 10 * k);
+            Check.due("P13 ORDER of " + k, w.picture(k, 2), 10 * k);
             // P refers to what was made up, where that is the latest
-            Check.due("P13 trusted, " + k, v.picture(k, 5), k % 6 == 0 && k > 0 ? 0 : 1);
+            Check.due("P13 trusted, " + k, w.picture(k, 5), k % 6 == 0 && k > 0 ? 0 : 1);
         }
     }
 
@@ -956,19 +959,24 @@ public final class StoreTest {
         Check.due("P10 its chroma, moved", v.sample(1, 2, 12, 5), 1);
     }
 
-    private static String told(VideoSuite v) {
+    /** What is told behind some of the UNITS, and of all of them. */
+    private static String told(VideoSuite v, int from) {
         StringBuilder t = new StringBuilder();
-        int n = v.count(1);
-        for (int k = 0; k < n; k++) {
+        if (from > 0) {
+            v.decode(from);
+        }
+        for (int k = 0; k < 4; k++) {
             v.decode(1);
             t.append(store(v)).append('|').append(ordersOf(v)).append('|').append(list(v, 0)).append('|').append(v.count(4));
             t.append('|').append(v.count(7)).append('|').append(Check.told(() -> v.slice(17))).append(' ');
         }
-        v.flush();
-        for (int k = 0; k < v.count(3); k++) {
+        v.decode(400);
+        int outputs = v.flush();
+        for (int k = 0; k < outputs; k++) {
             t.append(v.picture(k, 2)).append(':').append(v.sum(k, 0)).append(' ');
         }
-        for (int i = 0; i < v.count(4); i++) {
+        int faults = v.count(4);
+        for (int i = 0; i < faults; i++) {
             t.append(v.fault(i, 0)).append(':').append(v.fault(i, 1)).append(' ');
         }
         return t.toString();
@@ -984,20 +992,25 @@ public final class StoreTest {
         s.add(s.head(1, 2).at(4, 3).ops(4, 4).raw(3, 3, 3)).add(s.head(1, 2).at(5, 120).ops(6, 3).raw(4, 4, 4));
         s.add(s.head(1, 2).at(9, 240).raw(5, 5, 5)).add(s.head(1, 0).at(10, 242).n(4).skipped(1));
         s.add(s.head(1, 2).at(10, 244).n(4).raw(5, 5, 5)).add(Streams.bytes(6));
-        VideoSuite v = s.object();
-        String first = told(v);
-        Check.due("there are FAULTS", v.count(4) > 0 ? 1 : 0, 1);
-        v.anew();
-        same("P9 as at first", told(v), first);
-        s.give(v);
-        same("P4 as at first", told(v), first);
-        v.mux();
-        v.demux();
-        same("P35 as at first", told(v), first);
-        v.anew();
-        v.decode(7);
-        v.anew();
-        same("P9 as at first, behind a part", told(v), first);
+        int n = s.object().count(1);
+        for (int from = 0; from < n; from += 4) {
+            VideoSuite fresh = s.object();
+            String first = told(fresh, from);
+            Check.due("there are FAULTS", fresh.count(4) > 0 ? 1 : 0, 1);
+            for (int way = 0; way < 4; way++) {
+                VideoSuite v = s.object();
+                v.decode(way == 3 ? 7 : 400);
+                if (way == 1) {
+                    s.give(v);
+                } else if (way == 2) {
+                    v.mux();
+                    v.demux();
+                } else {
+                    v.anew();
+                }
+                same("as at first by way " + way, told(v, from), first);
+            }
+        }
     }
 
     /** All SETS are gone, and the lists. */

@@ -42,6 +42,12 @@ public final class ThrowsTest {
         toldCalls(w);
         coderCalls(w);
         measureCalls(w);
+        fewMore(w);
+        for (int far : new int[] {1000003, Integer.MAX_VALUE, -1000003, Integer.MIN_VALUE}) {
+            farOfStream(w, far);
+            farOfDecoder(w, far);
+            farOfRest(w, far);
+        }
         return w;
     }
 
@@ -191,6 +197,109 @@ public final class ThrowsTest {
         }
         add(w, "scale of OUTPUT 2", MISSING, v -> v.scale(2, 0, 1, 1, 0, 0));
         add(w, "scale of plane 3", MISSING, v -> v.scale(0, 3, 1, 1, 0, 0));
+    }
+
+    /** Not just behind the last one, but still within what may be kept. */
+    private static void fewMore(List<Wrong> w) {
+        add(w, "unit, 3 more", MISSING, v -> v.unit(v.count(1) + 3, 0));
+        add(w, "unitByte, 3 more", MISSING, v -> v.unitByte(0, v.unit(0, 2) + 3));
+        add(w, "lose, 3 more", MISSING, v -> v.lose(v.count(1) + 3));
+        add(w, "flip, 3 more", BAD, v -> v.flip(6, 8 * v.unit(6, 2) + 3));
+        add(w, "flip of UNIT 3 more", MISSING, v -> v.flip(v.count(1) + 3, 0));
+        add(w, "box, 3 more", MISSING, v -> v.box(v.count(12) + 3, 0));
+        add(w, "picture, 3 more", MISSING, v -> v.picture(v.count(3) + 3, 0));
+        add(w, "sample 3 more to the right", MISSING, v -> v.sample(0, 0, 35, 0));
+        add(w, "sample 3 more below", MISSING, v -> v.sample(0, 0, 0, 19));
+        add(w, "block, 3 more", MISSING, v -> v.block(5, 0));
+        add(w, "edge, 3 more", MISSING, v -> v.edge(5, 0, 0));
+        add(w, "stored, 3 more", MISSING, v -> v.stored(v.count(5) + 3, 0));
+        add(w, "entry, 3 more", MISSING, v -> v.entry(0, 6));
+        add(w, "fault, 3 more", MISSING, v -> v.fault(v.count(4) + 3, 0));
+        add(w, "element, 3 more", MISSING, v -> v.element(v.count(8) + 3, 0));
+        add(w, "made, 3 more", MISSING, v -> v.made(v.count(9) + 3));
+        add(w, "coded, 3 more", MISSING, v -> v.coded(v.count(10) + 3, 0));
+        add(w, "scale 3 more to the right", BAD, v -> v.scale(0, 0, 4, 4, 7, 0));
+        add(w, "scale 3 more below", BAD, v -> v.scale(0, 0, 4, 4, 0, 7));
+        add(w, "quality 8 more to the right", MISSING, v -> v.quality(0, 1, 1, 32, 0));
+        add(w, "quality 8 more below", MISSING, v -> v.quality(0, 1, 1, 0, 16));
+    }
+
+    private static void farOfStream(List<Wrong> w, int far) {
+        add(w, "end of " + far, BAD, v -> v.end(far));
+        add(w, "split by " + far, BAD, v -> v.split(far));
+        add(w, "unit " + far, MISSING, v -> v.unit(far, 0));
+        add(w, "unit, what " + far, BAD, v -> v.unit(0, far));
+        add(w, "unitByte of " + far, MISSING, v -> v.unitByte(far, 0));
+        add(w, "unitByte " + far, MISSING, v -> v.unitByte(0, far));
+        add(w, "lose " + far, MISSING, v -> v.lose(far));
+        add(w, "flip of " + far, MISSING, v -> v.flip(far, 0));
+        add(w, "flip " + far, BAD, v -> v.flip(6, far));
+        add(w, "box " + far, MISSING, v -> v.box(far, 0));
+        add(w, "box, what " + far, BAD, v -> v.box(0, far));
+        if (far != 1000003 && far != -1000003) {
+            add(w, "buffer, rate " + far, BAD, v -> v.buffer(far, 0));
+            add(w, "buffer, size " + far, BAD, v -> v.buffer(0, far));
+        }
+    }
+
+    private static void farOfDecoder(List<Wrong> w, int far) {
+        add(w, "repair by " + far, BAD, v -> v.repair(far));
+        add(w, "decode " + far, BAD, v -> v.decode(far));
+        add(w, "set of kind " + far, BAD, v -> v.set(far, 0, 0));
+        add(w, "set " + far, MISSING, v -> v.set(0, far, 0));
+        add(w, "set, what " + far, BAD, v -> v.set(1, 0, far));
+        add(w, "slice, what " + far, BAD, v -> v.slice(far));
+        add(w, "block " + far, MISSING, v -> v.block(far, 0));
+        add(w, "block, what " + far, BAD, v -> v.block(0, far));
+        add(w, "vector of BLOCK " + far, MISSING, v -> v.vector(far, 0, 0, 0));
+        add(w, "vector of piece " + far, BAD, v -> v.vector(0, far, 0, 0));
+        add(w, "vector of list " + far, BAD, v -> v.vector(0, 0, far, 0));
+        add(w, "vector, what " + far, BAD, v -> v.vector(0, 0, 0, far));
+        add(w, "level of BLOCK " + far, MISSING, v -> v.level(far, 0, 0));
+        add(w, "level of piece " + far, BAD, v -> v.level(0, far, 0));
+        add(w, "level " + far, BAD, v -> v.level(0, 0, far));
+        add(w, "edge of BLOCK " + far, MISSING, v -> v.edge(far, 0, 0));
+        add(w, "edge of piece " + far, BAD, v -> v.edge(0, far, 0));
+        add(w, "edge, way " + far, BAD, v -> v.edge(0, 0, far));
+        add(w, "stored " + far, MISSING, v -> v.stored(far, 0));
+        add(w, "stored, what " + far, BAD, v -> v.stored(0, far));
+        add(w, "entry of list " + far, BAD, v -> v.entry(far, 0));
+        add(w, "entry " + far, MISSING, v -> v.entry(0, far));
+        add(w, "fault " + far, MISSING, v -> v.fault(far, 0));
+        add(w, "fault, what " + far, BAD, v -> v.fault(0, far));
+        add(w, "element " + far, MISSING, v -> v.element(far, 0));
+        add(w, "element, what " + far, BAD, v -> v.element(0, far));
+    }
+
+    private static void farOfRest(List<Wrong> w, int far) {
+        add(w, "setting " + far, BAD, v -> v.setting(far, 1));
+        add(w, "WIDTH " + far, BAD, v -> v.setting(0, far));
+        add(w, "budget " + far, BAD, v -> v.setting(16, far));
+        add(w, "paint, how " + far, BAD, v -> v.paint(far, 0, 0, 0));
+        add(w, "made " + far, MISSING, v -> v.made(far));
+        add(w, "coded " + far, MISSING, v -> v.coded(far, 0));
+        add(w, "coded, what " + far, BAD, v -> v.coded(0, far));
+        add(w, "picture " + far, MISSING, v -> v.picture(far, 0));
+        add(w, "picture, what " + far, BAD, v -> v.picture(0, far));
+        add(w, "sample of OUTPUT " + far, MISSING, v -> v.sample(far, 0, 0, 0));
+        add(w, "sample of plane " + far, MISSING, v -> v.sample(0, far, 0, 0));
+        add(w, "sample at x " + far, MISSING, v -> v.sample(0, 0, far, 0));
+        add(w, "sample at y " + far, MISSING, v -> v.sample(0, 0, 0, far));
+        add(w, "sum of OUTPUT " + far, MISSING, v -> v.sum(far, 0));
+        add(w, "sum of plane " + far, MISSING, v -> v.sum(0, far));
+        add(w, "histogram of OUTPUT " + far, MISSING, v -> v.histogram(far, 0, 0));
+        add(w, "histogram of plane " + far, MISSING, v -> v.histogram(0, far, 0));
+        add(w, "quality of OUTPUT " + far, MISSING, v -> v.quality(far, 0, 0, 0, 0));
+        add(w, "quality by OUTPUT " + far, MISSING, v -> v.quality(0, far, 0, 0, 0));
+        add(w, "quality, what " + far, BAD, v -> v.quality(0, 1, far, 0, 0));
+        add(w, "quality at x " + far, MISSING, v -> v.quality(0, 1, 1, far, 0));
+        add(w, "quality at y " + far, MISSING, v -> v.quality(0, 1, 2, 0, far & -4));
+        add(w, "scale of OUTPUT " + far, MISSING, v -> v.scale(far, 0, 1, 1, 0, 0));
+        add(w, "scale of plane " + far, MISSING, v -> v.scale(0, far, 1, 1, 0, 0));
+        add(w, "scale to width " + far, BAD, v -> v.scale(0, 0, far, 1, 0, 0));
+        add(w, "scale to height " + far, BAD, v -> v.scale(0, 0, 1, far, 0, 0));
+        add(w, "scale at x " + far, BAD, v -> v.scale(0, 0, 1, 1, far, 0));
+        add(w, "scale at y " + far, BAD, v -> v.scale(0, 0, 1, 1, 0, far));
     }
 
     /** Something of everything: a TAPE, BOXES, UNITS decoded and not, FAULTS, OUTPUTS, a STORE, pictures coded, one waits. */
