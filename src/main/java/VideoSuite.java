@@ -1885,9 +1885,6 @@ public final class VideoSuite {
             int b1 = referenceId[MOST_PIECES + b];
             boolean isStraight = a0 == b0 && a1 == b1;
             boolean isCrossed = a0 == b1 && a1 == b0;
-            if (!isStraight && !isCrossed) {
-                return true;
-            }
             boolean straightApart = a0 != 0 && farApart(a, b) || a1 != 0 && farApart(MOST_PIECES + a, MOST_PIECES + b);
             boolean crossedApart = a0 != 0 && farApart(a, MOST_PIECES + b) || a1 != 0 && farApart(MOST_PIECES + a, b);
             return (!isStraight || straightApart) && (!isCrossed || crossedApart);

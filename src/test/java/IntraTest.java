@@ -18,6 +18,7 @@ public final class IntraTest {
         extremes();
         means();
         ownSides();
+        ownSidesOfLarge();
         rests();
         evens();
         oneEven();
@@ -329,6 +330,49 @@ public final class IntraTest {
         }
     }
 
+    /** Likewise SIXTEEN's modes, and colours' ones (from 4 on). */
+    private static void ownSidesOfLarge() {
+        int[] where = {3, 1, 0, 2};
+        for (int i = 0; i < 64; i++) {
+            int own = i / 32;
+            int gone = i / 8 % 4;
+            int mode = i % 8;
+            Streams s = new Streams().size(3, 2);
+            s.own = own;
+            s.sets();
+            Data d = s.head(5, 2).data();
+            for (int mb = 0; mb < 6; mb++) {
+                d.type(3).colours(0).more(0).token("1");
+            }
+            s.add(d.unit());
+            d = s.head(1, 0).at(1, 2).off(1, 0, 0).data();
+            for (int mb = 0; mb < 4; mb++) {
+                if (mb == where[gone]) {
+                    d.skipped(1);
+                } else {
+                    d.type(8).colours(0).more(0).token("1");
+                }
+            }
+            boolean left = own == 0 || gone != 0;
+            boolean above = own == 0 || gone != 1;
+            boolean all = above && left && (own == 0 || gone != 2);
+            boolean[] may = {above, left, true, all, true, left, above, all};
+            d.type(mode < 4 ? 6 + mode : 8);
+            if (mode > 3 || may[mode]) {
+                d.colours(mode < 4 ? 0 : mode - 4);
+            }
+            if (may[mode]) {
+                d.more(0).token("1");
+            }
+            VideoSuite v = s.add(d.unit()).object();
+            v.decode(400);
+            String what = "own " + own + ", BLOCK " + where[gone] + " by lists, large mode " + mode;
+            Check.due(what + ": FAULTS", v.count(4), may[mode] ? 0 : 1);
+            Check.due(what + ": its kind", may[mode] ? 4 : v.fault(0, 2), 4);
+            Check.due(what + ": the BLOCK", v.block(4, 0), may[mode] ? 1 : -1);
+        }
+    }
+
     /** own 1: samples of BLOCKS by lists are not THERE, each side by itself; own 0: they are. */
     private static void ownSides() {
         for (int own = 0; own < 2; own++) {
@@ -375,6 +419,7 @@ public final class IntraTest {
                     v.decode(400);
                     String what = "own " + own + ", BLOCK " + where[gone] + " by lists, mode " + mode;
                     Check.due(what + ": FAULTS", v.count(4), may ? 0 : 1);
+                    Check.due(what + ": its kind", may ? 4 : v.fault(0, 2), 4);
                     Check.due(what + ": the BLOCK", v.block(4, 0), may ? 0 : -1);
                     if (mode == 3 && may) {
                         v.flush();

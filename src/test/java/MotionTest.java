@@ -560,6 +560,17 @@ public final class MotionTest {
         int k = -12 * tx + 32 >> 6;
         is("by list 1", v, 0, 0, 0, k * 60 + 128 >> 8, k * -20 + 128 >> 8);
         is("by list 1, list 1", v, 0, 0, 1, (k * 60 + 128 >> 8) - 60, (k * -20 + 128 >> 8) + 20);
+        // likewise by entry 1 of list 1
+        Streams u = own(sets(1, 1, 3));
+        u.add(u.head(1, 1).at(3, 24).n(1, 2).data().type(2).te(1, 1).move(60, -20).pattern(0).unit());
+        // list 1 has ORDER 32, then 16
+        u.refs = 4;
+        h = u.head(1, 1).at(4, 20).ref(0).n(3, 1);
+        h.space = 0;
+        v = whole("by list 1, entry 1", u, h.data().skipped(1));
+        Check.due("P23 entry 0 of list 1", v.entry(1, 0), 24);
+        Check.due("P23 the picture it refers to", v.entry(0, v.vector(0, 0, 0, 2)), 16);
+        Check.due("P19 moved", v.vector(0, 0, 0, 0) != 0 ? 1 : 0, 1);
         // the least entry of two that are this picture
         h = s.head(1, 1).at(4, 20).ref(0).n(4, 1).moves(0, 0, 1, 0, 0, 1, 0);
         h.space = 0;

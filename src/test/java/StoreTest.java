@@ -197,6 +197,16 @@ public final class StoreTest {
         Streams.Head h = s.head(5, 2).at(0, 8);
         Check.due("P17 an OWN one begins with 0", decoded(s.add(h.raw(1, 1, 1))).slice(17), 8);
         Check.due("P17 and goes on so", decoded(s.add(s.head(1, 2).at(1, 0).raw(1, 1, 1))).slice(17), 16);
+        // LOW of the REFERENCE before is 8: that counts no more
+        int[][] rows = {{0, 0}, {1, 1}, {7, 7}, {8, 8}, {9, -7}, {15, -1}};
+        for (int[] r : rows) {
+            Streams t = sets(1);
+            t.lowBits = 4;
+            t.sets().add(t.head(5, 2).raw(1, 1, 1)).add(t.head(1, 2).at(1, 8).raw(1, 1, 1));
+            Streams.Head own = t.head(5, 2).at(0, r[0]);
+            own.ownId = 1;
+            Check.due("P17 an OWN one of LOW " + r[0], decoded(t.add(own.raw(1, 1, 1))).slice(17), r[1]);
+        }
     }
 
     private static void kindTwo() {
