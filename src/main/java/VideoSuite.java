@@ -3251,7 +3251,7 @@ public final class VideoSuite {
                 otherWeight = h.weight[Header.weightAt(1, s, p)];
                 otherOffset = h.weight[Header.weightAt(1, s, p) + 1];
             }
-            return isBoth ? 5 : plain + 3;
+            return plain + 3;
         }
 
         private void blend(int way, int at, int row, int size) {

@@ -19,6 +19,8 @@ public final class CostsTest {
         }
         oneLevel();
         evenAlone();
+        measures();
+        mostLevel();
         Check.end();
     }
 
@@ -395,5 +397,53 @@ public final class CostsTest {
         v.take();
         v.decode(3);
         Check.due("P18 chroma pattern of noise", v.block(0, 4), 2);
+    }
+
+    /** Each LEVEL of chroma, that is predicted as 128, for each STEP that chroma can have. */
+    private static void measures() {
+        for (int seed = 0; seed < 360; seed++) {
+            int q = seed % 40;
+            // chroma's STEP is told by STEP and APART; from 30 on it is less than both
+            VideoSuite v = open(0, 1, 1, 1, 3, Math.max(12, q), 23, Math.min(0, q - 12));
+            v.paint(2, 0, 128, seed);
+            v.encode();
+            v.take();
+            v.decode(3);
+            int[] input = new int[384];
+            int s = seed;
+            for (int i = 0; i < 384; i++) {
+                s = 1664525 * s + 1013904223;
+                input[i] = s >>> 24;
+            }
+            int i0 = Math.max(0, q);
+            int chroma = i0 < 30 ? i0 : new int[] {29, 30, 31, 32, 32, 33, 34, 34, 35, 35}[i0 - 30];
+            for (int k = 0; k < 8; k++) {
+                int[] rest = new int[16];
+                for (int i = 0; i < 16; i++) {
+                    rest[i] = input[256 + 64 * (k / 4) + (k / 2 % 2 * 4 + i / 4) * 8 + k % 2 * 4 + i % 4] - 128;
+                }
+                int[] level = Costs.levels(rest, chroma, true);
+                for (int i = 1; i < 16; i++) {
+                    Check.due("P20 chroma LEVEL " + i + " of " + k + ", STEP " + chroma, v.level(0, 19 + k, i), level[i]);
+                }
+            }
+        }
+    }
+
+    /** LEVELS are 2000 at most: EVEN 4 of chroma from 0 to 255, and back. */
+    private static void mostLevel() {
+        int[][] rows = {{0, 255, -12, 2000}, {255, 0, -12, -2000}, {0, 156, -12, 1996}, {0, 157, -12, 2000}, {0, 255, 0, 816}};
+        for (int[] r : rows) {
+            VideoSuite v = open(0, 1, 1, 1, 3, 12, 4, 12, 23, r[2], 17, 0);
+            v.paint(0, 100, r[0], r[0]);
+            v.encode();
+            v.paint(0, 100, r[1], r[1]);
+            v.encode();
+            v.take();
+            v.decode(400);
+            Check.due("the BLOCK is by lists", v.block(0, 0), 3);
+            Check.due("P20 from " + r[0] + " to " + r[1] + " at " + r[2], v.level(0, 17, 0), r[3]);
+            Check.due("P20 the other plane", v.level(0, 18, 0), r[3]);
+        }
     }
 }

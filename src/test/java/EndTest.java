@@ -17,6 +17,7 @@ public final class EndTest {
         strengthOfPictures();
         strengthOfTwo();
         thresholds();
+        eachThreshold();
         filtered();
         Check.end();
     }
@@ -624,6 +625,60 @@ public final class EndTest {
             }
         }
         return d;
+    }
+
+    /** ALPHA and BETA of each STEP, just below and not: samples as they are put, by SKIPPED-like BLOCKS of strength 1. */
+    private static void eachThreshold() {
+        for (int q = 16; q < 52; q++) {
+            for (int less = 0; less < 2; less++) {
+                int step = bound(ALPHA, q) - less;
+                boolean isHigh = q % 2 == 1;
+                int[] row = new int[32];
+                for (int x = 0; x < 32; x++) {
+                    row[x] = x < 17 == isHigh ? step : 0;
+                }
+                line("ALPHA less " + less + " at " + q, row, q, 0, 6);
+                int beta = bound(BETA, q) - less;
+                // p1, then q1, above or below
+                for (int k = 0; k < 4; k++) {
+                    for (int x = 0; x < 32; x++) {
+                        row[x] = x < 17 ? 100 : 103;
+                    }
+                    row[k < 2 ? 14 : 18] += k % 2 == 0 ? beta : -beta;
+                    line("BETA less " + less + " at " + q + ", " + k, row, q, 6, 0);
+                }
+                // p2, then q2: that tells how many samples change
+                for (int k = 0; k < 4; k++) {
+                    for (int x = 0; x < 32; x++) {
+                        row[x] = x < 17 ? 100 : 103;
+                    }
+                    row[k < 2 ? 13 : 19] += k % 2 == 0 ? beta : -beta;
+                    line("BETA less " + less + " at " + q + ", further, " + k, row, q, 6, 0);
+                }
+            }
+        }
+    }
+
+    /** A picture whose rows are so, column 16 left out by the right BLOCK's VECTOR; its edge filtered. */
+    private static void line(String what, int[] row, int q, int a, int b) {
+        int[][] raw = new int[2][384];
+        for (int i = 0; i < 512; i++) {
+            raw[i / 256][i % 256] = row[i / 256 * 16 + i % 16];
+        }
+        Streams s = sets(2, 1, 1).sets();
+        s.add(s.head(5, 2).off(1, 0, 0).data().type(25).raw(raw[0]).type(25).raw(raw[1]).unit());
+        Streams.Head h = s.head(1, 0).at(1, 2).off(0, a, b);
+        h.more = q - 26;
+        VideoSuite v = ended(s.add(h.data().type(0).move(0, 0).pattern(0).type(0).move(4, 0).pattern(0).unit()), 0);
+        Check.due(what + ": STRENGTH", v.edge(1, 0, 0), 1);
+        int[] due = new int[32];
+        for (int x = 0; x < 32; x++) {
+            due[x] = row[x < 16 ? x : Math.min(31, x + 1)];
+        }
+        line(due, 16, 1, 1, q, a, b, true);
+        for (int x = 11; x < 21; x++) {
+            Check.due("P14 " + what + ", at " + x, v.sample(1, 0, x, 9), due[x]);
+        }
     }
 
     /** Whole pictures: what off 1 shows, filtered here, is what off 0 shows. */

@@ -4,6 +4,7 @@ public final class MotionTest {
 
     public static void main(String[] args) {
         oneNeighbour();
+        slicesWithin();
         upperAndCorner();
         medians();
         halves();
@@ -102,6 +103,38 @@ public final class MotionTest {
         // one that is I: 0 0
         Data d = block(p(s).n(2).data().type(30).raw(5), 1, 0, 3, 4);
         is("A alone, I", whole("A alone, I", s, d), 1, 0, 0, 3, 4);
+    }
+
+    /** A and B THERE, C and D not: A counts alone where it alone has the reference; likewise A and C, but B not. */
+    private static void slicesWithin() {
+        for (int has = 0; has < 8; has++) {
+            // two columns, a SLICE from BLOCK 1 on: of BLOCK 3 A is 2, B is 1
+            Streams s = own(sets(2, 2, 2));
+            Data d = p(s).n(2).from(1).data();
+            block(block(d, 1, has & 1, 9, -7), 1, has >> 1 & 1, 30, 20);
+            VideoSuite v = whole("A and B", s, block(d, 1, has >> 2, 0, 0));
+            besides("A and B, " + has, v, 3, 2, 1, has >> 2);
+            // three columns, from BLOCK 2 on: of BLOCK 4 A is 3, C is 2
+            s = own(sets(3, 2, 2));
+            d = p(s).n(2).from(2).data();
+            block(block(d, 1, has & 1, 9, -7), 1, has >> 1 & 1, 30, 20);
+            v = whole("A and C", s, block(d, 1, has >> 2, 0, 0));
+            besides("A and C, " + has, v, 4, 3, 2, has >> 2);
+        }
+    }
+
+    /** The GUESS of a BLOCK with two NEIGHBOURS: that of the one that has its reference, else the MEDIAN with 0 0. */
+    private static void besides(String what, VideoSuite v, int mb, int one, int other, int r) {
+        boolean isOne = v.vector(one, 0, 0, 2) == r;
+        boolean isOther = v.vector(other, 0, 0, 2) == r;
+        int[] due = new int[2];
+        for (int i = 0; i < 2; i++) {
+            int a = v.vector(one, 0, 0, i);
+            int b = v.vector(other, 0, 0, i);
+            int middle = Math.max(Math.min(a, b), Math.min(Math.max(a, b), 0));
+            due[i] = isOne == isOther ? middle : isOne ? a : b;
+        }
+        is(what, v, mb, 0, 0, due[0], due[1]);
     }
 
     /** Just one of A, B, C has the reference: its; C not THERE: D counts. */
@@ -311,18 +344,22 @@ public final class MotionTest {
     /** DIRECT by space: the least reference of A, B, C. */
     private static void directReferences() {
         Streams s = own(sets(3, 2, 3));
-        for (int i = 0; i < 27; i++) {
-            // of B, C, A (BLOCKS 1, 2, 3) by list 0: 0, 1, or none (by list 1 alone)
-            int[] r = {i % 3, i / 3 % 3, i / 9};
-            Data d = s.head(1, 1).at(3, 24).ref(0).n(2, 2).data();
+        for (int i = 0; i < 64; i++) {
+            // of B, C, A (BLOCKS 1, 2, 3) by list 0: 0, 1, 2, or none (by list 1 alone)
+            int[] r = {i % 4, i / 4 % 4, i / 16};
+            Data d = s.head(1, 1).at(3, 24).ref(0).n(3, 2).data();
             for (int mb = 0; mb < 4; mb++) {
-                int k = mb == 0 ? 2 : r[mb - 1];
-                d.type(k == 2 ? 2 : 1).te(1, k == 2 ? 1 : k).move(30, 40).pattern(0);
+                int k = mb == 0 ? 3 : r[mb - 1];
+                if (k == 3) {
+                    d.type(2).te(1, 1).move(30, 40).pattern(0);
+                } else {
+                    d.type(1).te(2, k).move(30, 40).pattern(0);
+                }
             }
             VideoSuite v = whole("DIRECT " + i, s, d.skipped(1));
             int least = Math.min(r[0], Math.min(r[1], r[2]));
-            Check.due("P19 DIRECT " + i + ", list 0", v.vector(4, 0, 0, 2), least == 2 ? -1 : least);
-            boolean any = r[0] == 2 || r[1] == 2 || r[2] == 2;
+            Check.due("P19 DIRECT " + i + ", list 0", v.vector(4, 0, 0, 2), least == 3 ? -1 : least);
+            boolean any = r[0] == 3 || r[1] == 3 || r[2] == 3;
             Check.due("P19 DIRECT " + i + ", list 1", v.vector(4, 0, 1, 2), any ? 1 : -1);
         }
     }
