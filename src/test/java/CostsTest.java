@@ -401,8 +401,8 @@ public final class CostsTest {
 
     /** Each LEVEL of chroma, that is predicted as 128, for each STEP that chroma can have. */
     private static void measures() {
-        for (int seed = 0; seed < 360; seed++) {
-            int q = seed % 40;
+        for (int seed = 0; seed < 720; seed++) {
+            int q = seed % 2 == 0 ? seed / 2 % 6 : seed % 40;
             // chroma's STEP is told by STEP and APART; from 30 on it is less than both
             VideoSuite v = open(0, 1, 1, 1, 3, Math.max(12, q), 23, Math.min(0, q - 12));
             v.paint(2, 0, 128, seed);
