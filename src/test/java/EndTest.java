@@ -18,6 +18,7 @@ public final class EndTest {
         strengthOfTwo();
         thresholds();
         eachThreshold();
+        eachSoft();
         filtered();
         Check.end();
     }
@@ -679,6 +680,74 @@ public final class EndTest {
         for (int x = 11; x < 21; x++) {
             Check.due("P14 " + what + ", at " + x, v.sample(1, 0, x, 9), due[x]);
         }
+    }
+
+    /** C0 of each STEP and of the STRENGTHS 2 and 3: a BLOCK by lists with LEVELS, and two that are I. */
+    private static void eachSoft() {
+        for (int i = 0; i < 35 * 3 * 4; i++) {
+            int q = 17 + i % 35;
+            int kind = i / 35 % 3;
+            boolean isI = kind > 0;
+            int[][][] planes = new int[2][][];
+            int[][][] strength = new int[1][16][2];
+            int[] steps = {q};
+            for (int off = 0; off < 2; off++) {
+                Streams s = sets(1, 1, 1).sets();
+                Random chance = new Random(i);
+                if (!isI) {
+                    int[] raw = new int[384];
+                    for (int k = 0; k < 384; k++) {
+                        raw[k] = k < 256 ? 90 + chance.nextInt(q) : 128;
+                    }
+                    s.add(s.head(5, 2).off(1, 0, 0).data().type(25).raw(raw).unit());
+                }
+                Streams.Head h = (isI ? s.head(5, 2) : s.head(1, 0).at(1, 2)).off(off, 0, 6);
+                h.more = q - 26;
+                s.add((kind == 2 ? stepped(h.data(), chance) : levelled(h.data(), isI, chance)).unit());
+                VideoSuite v = ended(s, 0);
+                Check.due("P24 FAULTS", v.count(4), 0);
+                planes[off] = Planes.of(() -> ended(s, 0), isI ? 0 : 1, 16, 16);
+                for (int k = 0; off == 0 && k < 32; k++) {
+                    strength[0][k / 2][k % 2] = v.edge(0, k / 2, k % 2);
+                    boolean isInside = k % 2 == 0 ? k / 2 % 2 + k / 8 % 2 > 0 : k / 4 % 2 + k / 16 > 0;
+                    Check.due("P21 STRENGTH " + k, strength[0][k / 2][k % 2], !isInside ? 0 : isI ? 3 : 2);
+                }
+            }
+            filter(planes[1], 1, 1, strength, steps, 0, 0, 6);
+            for (int k = 0; k < 256; k++) {
+                Check.due("P14 filtered at STEP " + q + ", sample " + k, planes[0][0][k], planes[1][0][k]);
+            }
+        }
+    }
+
+    /** SIXTEEN, whose pieces are flat. */
+    private static Data stepped(Data d, Random chance) {
+        int[] level = new int[7];
+        for (int i = 0; i < 7; i++) {
+            level[i] = i == 6 ? 1 : chance.nextInt(11) - 5;
+        }
+        return Codes.levels(d.type(3).colours(0).more(0), 0, 16, level);
+    }
+
+    /** A BLOCK with three LEVELS in each luma piece. */
+    private static Data levelled(Data d, boolean isI, Random chance) {
+        d.type(0);
+        for (int b = 0; b < 16 && isI; b++) {
+            d.given();
+        }
+        if (isI) {
+            d.colours(0).pattern(2).more(0);
+        } else {
+            d.move(0, 0).pattern(11).more(0);
+        }
+        for (int b = 0; b < 16; b++) {
+            int[] level = new int[3];
+            for (int i = 0; i < 3; i++) {
+                level[i] = (1 + (i == 0 ? chance.nextInt(3) : 0)) * (chance.nextInt(2) * 2 - 1);
+            }
+            Codes.levels(d, b == 0 ? 0 : 1, 16, level);
+        }
+        return d;
     }
 
     /** Whole pictures: what off 1 shows, filtered here, is what off 0 shows. */
