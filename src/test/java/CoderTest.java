@@ -461,6 +461,13 @@ public final class CoderTest {
             reserve = Math.max(0, Math.min(3600, reserve + 900 - v.coded(i, 0)));
             Check.due("P33 RESERVE", v.coded(i, 6), reserve);
         }
+        // what is less than budget and RESERVE fits at once
+        VideoSuite e = open(0, 1, 1, 1, 3, 12, 16, 1000000);
+        e.paint(2, 0, 128, 5);
+        e.encode();
+        Check.due("P29 it fits at once", e.coded(0, 3), 1);
+        Check.due("P29 its STEP", e.coded(0, 1), 12);
+        Check.due("P33 RESERVE", e.coded(0, 6), 1000000 - e.coded(0, 0));
         VideoSuite f = open(0, 1, 1, 1, 16, 1000);
         for (int i = 0; i < 8; i++) {
             f.encode();

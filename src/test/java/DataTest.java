@@ -15,6 +15,9 @@ public final class DataTest {
             sixteens();
             fours();
             modesThatMayNotBe();
+            modesByCorners();
+            modesBesideSixteen();
+            elementsTold();
             neighboursOfOtherSlices();
             neighboursByLists();
             coloursModes();
@@ -350,6 +353,96 @@ public final class DataTest {
             own[i] = i == b ? mode : 2;
         }
         return guess(own, null, k);
+    }
+
+    /** Which modes of FOUR may be, by what is THERE: at the left, above, above and left. */
+    private static void modesByCorners() {
+        boolean[][] cases = {{false, true, false}, {true, false, false}, {true, true, false}, {true, true, true}};
+        for (boolean[] c : cases) {
+            boolean isTwoRows = c[1];
+            Streams s = sets(c[0] ? 2 : 1, isTwoRows ? 2 : 1, 1).sets();
+            int first = c[0] && c[1] && !c[2] ? 1 : 0;
+            int last = s.width * s.height - 1;
+            for (int i = 0; i < 144; i++) {
+                int b = i / 9;
+                int mode = i % 9;
+                int x = b / 4 % 2 * 8 + b % 2 * 4;
+                int y = b / 8 * 8 + b / 2 % 2 * 4;
+                boolean left = x > 0 || c[0];
+                boolean above = y > 0 || c[1];
+                boolean corner = x > 0 ? above : y > 0 ? left : c[2];
+                boolean may = mode == 2 || (mode == 1 || mode == 8 ? left : mode < 4 || mode == 7 ? above : left && above && corner);
+                Data d = s.head(5, 2).from(first).data();
+                for (int mb = first; mb < last; mb++) {
+                    d.type(3).colours(0).more(0).token("1");
+                }
+                d.type(0);
+                for (int k = 0; k < b; k++) {
+                    d.given();
+                }
+                mode(d, mode, 2);
+                String what = "mode " + mode + " of " + b + ", left " + c[0] + ", above " + c[1] + ", corner " + c[2];
+                if (!may) {
+                    fault(what, s, d, WRONG);
+                    continue;
+                }
+                for (int k = b + 1; k < 16; k++) {
+                    mode(d, 2, besides(b, mode, k, c[0], c[1]));
+                }
+                VideoSuite v = whole(what, s, d.colours(0).pattern(3));
+                Check.due(by(what), v.block(last, 8 + b), mode);
+            }
+        }
+    }
+
+    /** The GUESS of piece k, where all are 2 but one; what is THERE of other BLOCKS counts as 2. */
+    private static int besides(int one, int mode, int k, boolean isLeft, boolean isAbove) {
+        int x = k / 4 % 2 * 8 + k % 2 * 4;
+        int y = k / 8 * 8 + k / 2 % 2 * 4;
+        if (x == 0 && !isLeft || y == 0 && !isAbove) {
+            return 2;
+        }
+        int left = x > 0 && number(x - 4, y) == one ? mode : 2;
+        int above = y > 0 && number(x, y - 4) == one ? mode : 2;
+        return Math.min(left, above);
+    }
+
+    /** Of a BLOCK that is SIXTEEN the mode counts as 2, whatever it is. */
+    private static void modesBesideSixteen() {
+        Streams s = sets(2, 2, 1).sets();
+        Data d = s.head(5, 2).data().type(3).colours(0).more(0).token("1").type(0);
+        for (int b = 0; b < 16; b++) {
+            // mode 8 all over: the GUESS is 2 but where both are THERE
+            boolean isTop = b == 0 || b == 1 || b == 4 || b == 5;
+            boolean isSide = b == 2 || b == 8 || b == 10;
+            mode(d, 8, isTop || isSide ? 2 : 8);
+        }
+        d.colours(0).pattern(3).type(1).colours(0).more(0).token("1").type(0);
+        for (int b = 0; b < 16; b++) {
+            d.given();
+        }
+        VideoSuite v = whole("FOUR between FOUR and SIXTEEN", s, d.colours(0).pattern(3));
+        Check.due(by("P18 the mode of SIXTEEN"), v.block(2, 8), 0);
+        for (int b = 0; b < 16; b++) {
+            // 2 at the left is the lesser one everywhere
+            Check.due(by("P18 mode of " + b), v.block(3, 8 + b), 2);
+        }
+    }
+
+    /** ARITH: the ELEMENTS of the HEADER alone; TABLES: those of DATA, too. */
+    private static void elementsTold() {
+        Streams s = sets(1, 1, 1).sets();
+        VideoSuite v = whole("ELEMENTS", s, s.head(5, 2).data().type(3).colours(0).more(0).token("1"));
+        // first, sort, PARAMETERS, FRAME, own id, LOW, drop, long, step, off, A, B; type, colours' mode, more, TOKEN
+        Check.due(by("P41 ELEMENTS"), v.count(8), coding == 1 ? 12 : 16);
+        Check.answers(by("P25 the last of the HEADER"), 0, () -> v.element(11, 2));
+        if (coding == 1) {
+            Check.missing(by("P25 none of DATA"), () -> v.element(12, 2));
+        } else {
+            Check.answers(by("P25 type"), 3, () -> v.element(12, 2));
+        }
+        VideoSuite w = whole("ELEMENTS of RAW", s, s.head(5, 2).data().type(25).raw(9));
+        Check.due(by("P41 ELEMENTS of RAW"), w.count(8), coding == 1 ? 12 : 12 + 1 + 384 + (w.element(13, 1) != 8 ? 1 : 0));
     }
 
     private static void neighboursOfOtherSlices() {

@@ -52,6 +52,10 @@ public final class EndTest {
         return v;
     }
 
+    private static Data raws(Data d, int one, int[] more) {
+        return raws(raws(d, one), more);
+    }
+
     private static Data raws(Data d, int... luma) {
         for (int l : luma) {
             d.type(25).raw(l, l + 1, l + 2);
@@ -207,6 +211,36 @@ public final class EndTest {
             // the one above the last is REPAIRED: 0 0, though the left one isn't tried
             Check.due("P10 below one REPAIRED", v.sample(1, 0, 20, 25), 3 * 20 + 4 * 25);
         }
+        // the way alone tells whether it is moved
+        for (int way = 0; way < 3; way++) {
+            VideoSuite v = ended(copy(s).add(s.head(1, 0).at(1, 2).off(1, 0, 0).data().type(0).move(40, 20).pattern(0).unit()), way);
+            int due = way == 0 ? 128 : way == 1 ? 3 * 20 + 4 * 5 : v.sample(1, 0, 15, 5);
+            Check.due("P10 by way " + way, v.sample(1, 0, 20, 5), due);
+        }
+        // the BLOCK above, and not the one at the left, in a row of three, of reference 1, too
+        for (int r = 0; r < 2; r++) {
+            Streams u = sets(3, 2, 2).sets();
+            for (int frame = 0; frame < 2; frame++) {
+                Data w = (frame == 0 ? s.head(5, 2) : s.head(1, 2).at(1, 2)).off(1, 0, 0).data();
+                for (int mb = 0; mb < 6; mb++) {
+                    w.type(25).raw(20 * mb + 100 * frame, 7, 8);
+                }
+                u.add(w.unit());
+            }
+            Data w = s.head(1, 0).at(2, 4).off(1, 0, 0).n(2).data();
+            w.skipped(1).type(0).te(1, r).move(64, 0).pattern(0).type(0).te(1, r).move(-128, 0).pattern(0);
+            w.type(0).te(1, r).move(0, 64).pattern(0);
+            VideoSuite v = ended(u.add(w.unit()), 3);
+            Check.due("P24 FAULTS", v.count(4), 0);
+            // BLOCK 4 by BLOCK 1, BLOCK 5 by BLOCK 2
+            for (int mb = 4; mb < 6; mb++) {
+                int x = mb % 3 * 16 + 8;
+                int to = Math.max(0, Math.min(47, x + (v.vector(mb - 3, 15, 0, 0) + 2 >> 2)));
+                int down = Math.min(31, 24 + (v.vector(mb - 3, 15, 0, 1) + 2 >> 2));
+                Check.due("P10 BLOCK " + mb + " by the one above, reference " + r, v.sample(2, 0, x, 24),
+                        20 * (down / 16 * 3 + to / 16) + 100);
+            }
+        }
         // its last piece counts; by list 1 alone: 0 0
         d = s.head(1, 0).at(1, 2).off(1, 0, 0).data().type(3).sub(0, 0, 0, 3);
         d.move(40, 0, 0, 0, 0, 0, 0, 0, 0, 0, 0, 0, -12, 24);
@@ -252,6 +286,12 @@ public final class EndTest {
                     .move(0, 0, 0, 0, 0, 0, 0, 0).pattern(0);
             v = ended(copy(s).add(d.unit()), 1);
             Check.due("P13 trusted by the last quarter, " + r, v.picture(2, 5), r);
+            // entry 1 is trusted, or not
+            Streams u = sets(2, 1, 2).sets();
+            u.add(raws(s.head(5, 2).data(), 50, r == 0 ? new int[0] : new int[] {60}).unit());
+            u.add(raws(s.head(1, 2).at(1, 40).data(), 70, 80).unit());
+            d = s.head(1, 0).at(2, 50).n(2).data().type(0).te(1, 1).move(0, 0).pattern(0).type(30).raw(1);
+            Check.due("P13 trusted by reference 1, " + r, ended(u.add(d.unit()), 1).picture(2, 5), r);
             // B: list 0 begins with ORDER 0, list 1 with 40
             d = s.head(1, 1).at(2, 20).ref(0).data().type(1 + r).move(0, 0).pattern(0).type(48).raw(1);
             v = ended(copy(s).add(d.unit()), 1);

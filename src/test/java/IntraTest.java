@@ -456,6 +456,24 @@ public final class IntraTest {
     }
 
     /** A plane beyond 0 and 255 at its corners. */
+    /** What is predicted is 0 .. 255 before what is left is added. */
+    private static void planeAndRest(int even) {
+        int[] t = side(0, 16, 16, 16, true);
+        int[] l = side(0, 16, 16, 16, false);
+        Streams s = sets(3, 2);
+        Data d = head(s).data();
+        for (int k = 0; k < 4; k++) {
+            raw(d, k);
+        }
+        VideoSuite v = shown(s, Codes.levels(d.type(4).colours(0).more(0), 3, 16, even));
+        // STEP 26: NORM 13, 4 times doubled
+        int rest = ((even * 13 << 4) + 2 >> 2) + 32 >> 6;
+        for (int i = 0; i < 256; i += 5) {
+            int due = clip(plane(t, l, 16, 5, i % 16, i / 16) + rest);
+            Check.due("P14 a plane, and " + rest + " more, at " + i, v.sample(0, 0, 16 + i % 16, 16 + i / 16), due);
+        }
+    }
+
     private static void extremes() {
         int[][] was = planes;
         planes = new int[][] {new int[48 * 32], new int[24 * 16], new int[24 * 16]};
@@ -468,6 +486,21 @@ public final class IntraTest {
         }
         sixteens();
         colours();
+        // the plane goes on above 255, or below 0
+        for (int down = 0; down < 2; down++) {
+            for (int p = 0; p < 3; p++) {
+                int n = p == 0 ? 16 : 8;
+                for (int i = 0; i < planes[p].length; i++) {
+                    int x = i % (3 * n);
+                    int y = i / (3 * n);
+                    int v = clip(Math.max(x - n, y - n) * 17 * 16 / n);
+                    planes[p][i] = down == 1 ? 255 - v : v;
+                }
+            }
+            sixteens();
+            colours();
+            planeAndRest(down == 1 ? 5 : -5);
+        }
         planes = was;
     }
 
