@@ -17,6 +17,18 @@ public final class CostsTest {
         for (int seed = 0; seed < 120; seed++) {
             both(seed);
         }
+        // seeds of costs that are the same, or one apart
+        isCalm = true;
+        for (int seed : new int[] {240, 525, 569, 764, 869, 2234}) {
+            own(seed);
+        }
+        for (int seed : new int[] {150, 224, 245, 330, 540, 635, 639, 780, 1020, 1170, 1329}) {
+            anchors(seed);
+        }
+        both(4447);
+        both(7210);
+        isCalm = false;
+        directMoved();
         oneLevel();
         evenAlone();
         measures();
@@ -110,16 +122,20 @@ public final class CostsTest {
         int q = 12 + r.nextInt(40);
         VideoSuite v = open(0, 1, 1, 1, 3, q, 2, seed % 2);
         int[] luma = new int[256];
-        if (seed % 3 > 0) {
+        if (isCalm) {
+            calm(v, luma, seed);
+        } else if (seed % 3 > 0) {
             paint(v, luma, 1, r.nextInt(21) - 10, r.nextInt(21) - 10, r.nextInt(256));
         } else {
             paint(v, luma, 0, 100 + r.nextInt(60), 128, 128);
         }
-        if (seed % 4 > 0) {
+        if (seed % 4 > 0 && !isCalm) {
             paint(v, luma, 4, r.nextInt(10), r.nextInt(10), r.nextInt(256));
         }
         int noise = 1 + r.nextInt(seed % 5 == 0 ? 200 : 12);
-        paint(v, luma, 2, noise, noise / 2, seed);
+        if (!isCalm) {
+            paint(v, luma, 2, noise, noise / 2, seed);
+        }
         v.encode();
         v.take();
         v.decode(3);
@@ -190,7 +206,20 @@ public final class CostsTest {
         VideoSuite again();
     }
 
+    /** All nearly flat, so that costs are near one another. */
+    private static boolean isCalm;
+
+    private static void calm(VideoSuite v, int[] luma, int seed) {
+        int noise = 1 + seed / 3 % 5;
+        paint(v, luma, 0, 126 + seed % 5, 128, 128);
+        paint(v, luma, 2, noise, noise / 2, seed);
+    }
+
     private static void texture(VideoSuite v, int[] luma, int seed) {
+        if (isCalm) {
+            calm(v, luma, seed);
+            return;
+        }
         paint(v, luma, 1, seed % 7 * 3 - 9, seed % 5 * 4 - 8, 90);
         paint(v, luma, 4, seed % 9, seed % 8, 200);
         paint(v, luma, 2, 60, 30, seed);
@@ -201,7 +230,9 @@ public final class CostsTest {
         int[] luma = last;
         texture(v, luma, seed);
         for (int i = 1; i <= pictures; i++) {
-            if (i == pictures && seed % 6 == 5) {
+            if (isCalm && i > 1) {
+                calm(v, luma, seed + 7 * i);
+            } else if (i == pictures && seed % 6 == 5) {
                 paint(v, luma, 0, 100 + seed, 128, 128);
                 paint(v, luma, 2, 3 + seed % 9, 1 + seed % 9 / 2, seed + i);
             } else if (i > 1) {
@@ -277,7 +308,9 @@ public final class CostsTest {
         int way = seed % 5;
         int[] luma = new int[256];
         for (int i = 0; i < 3; i++) {
-            if (way == 4 || way == 3) {
+            if (isCalm) {
+                calm(v, luma, seed + 7 * i);
+            } else if (way == 4 || way == 3) {
                 // going on between noise, or standing
                 going(v, luma, seed, way == 4 ? i : 0);
             } else if (i == 0 || way == 2) {
@@ -285,10 +318,10 @@ public final class CostsTest {
             } else if (way == 0) {
                 paint(v, luma, 3, (seed + i) % 3 - 1, (seed / 3 + i) % 3 - 1, 0);
             }
-            if (way == 2 && i == 1) {
+            if (way == 2 && i == 1 && !isCalm) {
                 paint(v, luma, 0, 100 + seed, 128, 128);
             }
-            if (way < 3 || i != 1) {
+            if (!isCalm && (way < 3 || i != 1)) {
                 paint(v, luma, 2, 3 + seed % 30, 1 + seed % 30 / 2, seed + 5 + i);
             }
             v.encode();
@@ -444,6 +477,30 @@ public final class CostsTest {
             Check.due("the BLOCK is by lists", v.block(0, 0), 3);
             Check.due("P20 from " + r[0] + " to " + r[1] + " at " + r[2], v.level(0, 17, 0), r[3]);
             Check.due("P20 the other plane", v.level(0, 18, 0), r[3]);
+        }
+    }
+
+    /** B: DIRECT by time, moved, is SKIPPED where it has no LEVELS. */
+    private static void directMoved() {
+        for (int coding = 0; coding < 2; coding++) {
+            VideoSuite v = open(0, 1, 1, 1, 2, coding, 3, 12, 4, 12, 5, 38, 6, 1, 7, 2, 10, 4, 22, 0);
+            v.paint(1, 4, 2, 60);
+            v.paint(4, 4, 4, 200);
+            v.paint(2, 9, 4, 3);
+            v.encode();
+            v.paint(3, 1, 1, 0);
+            v.encode();
+            v.paint(3, 1, 1, 0);
+            v.encode();
+            v.take();
+            v.decode(4);
+            Check.due("P19 the P is moved", v.vector(0, 0, 0, 0), -8);
+            v.decode(1);
+            Check.due("P17 B", v.slice(1), 1);
+            Check.due("P19 half of it", v.vector(0, 0, 0, 0), -4);
+            Check.due("P19 half of it less the whole", v.vector(0, 0, 1, 1), 4);
+            Check.due("P18 no LEVELS", v.block(0, 3) + v.block(0, 4), 0);
+            Check.due("P18 SKIPPED", v.block(0, 1), -1);
         }
     }
 }
