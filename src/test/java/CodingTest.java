@@ -27,6 +27,7 @@ public final class CodingTest {
         manySlices();
         noiseOfOne();
         emulation();
+        slicesToTheByte();
         Check.end();
     }
 
@@ -731,6 +732,42 @@ public final class CodingTest {
                 zeros = b == 0 ? zeros + 1 : 0;
             }
             Check.due("P29 behind two 0 stands it", at, 8);
+        }
+    }
+
+    /** All bytes of a SLICE by both codings, up to STOP; REF 1 and 0. */
+    private static void slicesToTheByte() {
+        for (int coding = 0; coding < 2; coding++) {
+            VideoSuite v = open(0, 1, 1, 1, 2, coding, 6, 1, 7, 2);
+            v.encode();
+            v.encode();
+            v.encode();
+            v.take();
+            Streams s = new Streams().size(1, 1);
+            s.frameBits = 8;
+            s.lowBits = 8;
+            s.coding = coding;
+            s.refs = 2;
+            s.n0 = 2;
+            s.step = 28;
+            same("SEQUENCE", v, 0, s.sequence(0));
+            same("PARAMETERS", v, 1, s.parameters(0, 0));
+            Data d = s.head(5, 2).data().type(3).colours(0).more(0).token("1");
+            same("I by " + coding, v, 2, d.unit());
+            Streams.Head p = s.head(1, 0).at(1, 4).n(1);
+            p.more = 2;
+            same("P by " + coding, v, 3, p.data().skipped(1).unit());
+            Streams.Head b = s.head(1, 1).at(2, 2).ref(0);
+            b.more = 4;
+            same("B by " + coding, v, 4, b.data().skipped(1).unit());
+        }
+    }
+
+    private static void same(String what, VideoSuite v, int k, byte[] due) {
+        Check.due("P5 bytes of " + what, v.unit(k, 2), due.length);
+        for (int i = 0; i < due.length; i++) {
+            int at = i;
+            Check.answers("P6 byte " + i + " of " + what, due[i] & 255, () -> v.unitByte(k, at));
         }
     }
 }

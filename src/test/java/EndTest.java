@@ -16,6 +16,7 @@ public final class EndTest {
         strengthOfTotals();
         strengthOfPictures();
         strengthOfTwo();
+        strengthOfDirect();
         thresholds();
         eachThreshold();
         eachSoft();
@@ -487,6 +488,35 @@ public final class EndTest {
             VideoSuite v = two(rows[i][0], rows[i][1]);
             Check.due("P21 two lists, " + i, v.edge(1, 0, 0), rows[i][2][0]);
             Check.due("P21 two lists, the other piece, " + i, v.edge(1, 10, 0), rows[i][2][0]);
+        }
+    }
+
+    /** DIRECT refers to pictures as others do: beside the same ones, with the same VECTORS, 0. */
+    private static void strengthOfDirect() {
+        for (int i = 0; i < 8; i++) {
+            Streams s = sets(2, 1, 2).sets();
+            s.add(raws(s.head(5, 2).data(), 50, 60).unit()).add(raws(s.head(1, 2).at(1, 48).data(), 50, 60).unit());
+            Streams.Head h = s.head(1, 1).at(2, 20).ref(0).n(2, 2);
+            h.space = i / 4;
+            // the first one by list 0, by list 1 or both; list 0 is ORDER 0, 48; list 1 48, 0
+            int type = i % 4 == 3 ? 3 : 1 + i % 4;
+            Data d = h.data().type(type);
+            for (int l = 0; l < 2; l++) {
+                if ((type >> l & 1) == 1) {
+                    d.te(1, i % 4 == 3 ? 1 : 0);
+                }
+            }
+            for (int l = 0; l < 2; l++) {
+                if ((type >> l & 1) == 1) {
+                    d.move(0, 0);
+                }
+            }
+            VideoSuite v = ended(s.add(d.pattern(0).skipped(1).unit()), 0);
+            Check.due("P24 FAULTS", v.count(4), 0);
+            // by time DIRECT is ORDER 0 and 48, both entries 0; by space as the one at the left
+            boolean isSame = i / 4 == 1 || type == 3 && i % 4 == 2 || i % 4 == 3;
+            Check.due("P21 beside DIRECT, " + i, v.edge(1, 0, 0), isSame ? 0 : 1);
+            Check.due("P21 within DIRECT, " + i, v.edge(1, 4, 0) + v.edge(1, 8, 1), 0);
         }
     }
 

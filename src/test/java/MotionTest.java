@@ -5,6 +5,7 @@ public final class MotionTest {
     public static void main(String[] args) {
         oneNeighbour();
         slicesWithin();
+        quartersAlone();
         upperAndCorner();
         medians();
         halves();
@@ -135,6 +136,39 @@ public final class MotionTest {
             due[i] = isOne == isOther ? middle : isOne ? a : b;
         }
         is(what, v, mb, 0, 0, due[0], due[1]);
+    }
+
+    /** A quarter's parts leave the others alone: by a list that those don't use they have -1 and 0 0. */
+    private static void quartersAlone() {
+        int[] parts = {0, 1, 1, 1, 2, 2, 2, 2, 2, 2, 4, 4, 4};
+        int[] uses = {0, 1, 2, 3, 1, 1, 2, 2, 3, 3, 1, 2, 3};
+        Streams s = own(sets(1, 1, 2));
+        for (int i = 0; i < 48; i++) {
+            int sub = 1 + i / 4;
+            int q = i % 4;
+            int other = uses[sub] == 1 ? 2 : 1;
+            int[] subs = {other, other, other, other};
+            subs[q] = sub;
+            Data d = s.head(1, 1).at(2, 8).ref(0).n(1, 1).data().type(22).sub(subs);
+            for (int l = 0; l < 2; l++) {
+                for (int k = 0; k < 4; k++) {
+                    for (int n = 0; n < parts[subs[k]] && (uses[subs[k]] >> l & 1) == 1; n++) {
+                        d.move(k == q ? 21 + n : 3, k == q ? -30 : 5);
+                    }
+                }
+            }
+            VideoSuite v = whole("sub " + sub + " in " + q, s, d.pattern(0));
+            for (int l = 0; l < 2; l++) {
+                for (int b = 0; b < 16; b++) {
+                    boolean isUsed = (uses[subs[b / 4]] >> l & 1) == 1;
+                    String what = "P19 sub " + sub + " in " + q + ", list " + l + ", piece " + b;
+                    Check.due(what, v.vector(0, b, l, 2), isUsed ? 0 : -1);
+                    if (!isUsed) {
+                        is(what, v, 0, b, l, 0, 0);
+                    }
+                }
+            }
+        }
     }
 
     /** Just one of A, B, C has the reference: its; C not THERE: D counts. */

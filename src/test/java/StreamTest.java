@@ -184,6 +184,7 @@ public final class StreamTest {
         v.decode(1);
         Check.due("P5 decoded", v.unit(0, 5), 1);
         Check.due("P5 not decoded", v.unit(1, 5), 0);
+        Check.due("P5 not decoded, the last one", v.unit(2, 5), 0);
         Check.bad("P5 what 6", () -> v.unit(0, 6));
         Check.bad("P5 what -1", () -> v.unit(0, -1));
         Check.bad("P5 bad before missing", () -> v.unit(3, 6));
