@@ -11,6 +11,7 @@ public final class MeasureTest {
         scales(pictures());
         histograms(pictures());
         counts();
+        lumaAlone();
         Check.end();
     }
 
@@ -231,5 +232,23 @@ public final class MeasureTest {
         Check.due("P41 those that wait", v.count(11), 1);
         Check.due("P41 CHANCE goes on", v.count(13) != 12345 ? 1 : 0, 1);
         Check.due("P41 bytes MADE", v.count(9) > 20 ? 1 : 0, 1);
+    }
+
+    /** Luma alone counts, and all of it: pictures that differ in their chroma, or in the last sample. */
+    private static void lumaAlone() {
+        int[] last = new int[384];
+        java.util.Arrays.fill(last, 77);
+        last[255] = 80;
+        Streams s = new Streams().sets();
+        s.lowBits = 4;
+        s.add(s.head(5, 2).raw(77, 10, 20)).add(s.head(1, 2).at(1, 2).raw(77, 200, 90));
+        s.add(s.head(1, 2).at(2, 4).data().type(25).raw(last).unit());
+        VideoSuite v = s.object();
+        v.decode(400);
+        Check.due("P12 outputs", v.flush(), 3);
+        Check.due("P38 squares of other chroma", v.quality(0, 1, 0, 0, 0), 0);
+        Check.due("P38 squares of the last sample", v.quality(1, 2, 0, 0, 0), 9);
+        Check.due("P38 the index of other chroma", v.quality(0, 1, 1, 8, 8), 1);
+        Check.due("P38 the index of other chroma", v.quality(0, 1, 2, 8, 8), 1);
     }
 }

@@ -202,6 +202,15 @@ public final class StreamTest {
         Check.due("P5 STOP", v.unit(2, 4), 23);
         Check.due("P5 PAYLOAD, 3 without 0", v.unit(3, 3), 3);
         Check.due("P5 STOP", v.unit(3, 4), 15);
+        // each by itself, in another order
+        int[] stops = {41, 27, 23, 15};
+        int[] payloads = {7, 5, 4, 3};
+        for (int k : new int[] {3, 1, 0, 2, 1, 3}) {
+            Check.due("P5 STOP of UNIT " + k, v.unit(k, 4), stops[k]);
+        }
+        for (int k : new int[] {2, 0, 3, 1, 0}) {
+            Check.due("P5 PAYLOAD of UNIT " + k, v.unit(k, 3), payloads[k]);
+        }
         VideoSuite w = split(1, 3, 0, 3, 1, 5, 0, 0, 2, 0, 3);
         Check.due("P5 PAYLOAD, 3 behind one 0", w.unit(0, 3), 3);
         Check.due("P5 PAYLOAD, 3 behind 0 0 2 0", w.unit(1, 3), 5);
