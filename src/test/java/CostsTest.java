@@ -450,15 +450,28 @@ public final class CostsTest {
             }
             int i0 = Math.max(0, q);
             int chroma = i0 < 30 ? i0 : new int[] {29, 30, 31, 32, 32, 33, 34, 34, 35, 35}[i0 - 30];
+            int[] even = new int[8];
             for (int k = 0; k < 8; k++) {
                 int[] rest = new int[16];
                 for (int i = 0; i < 16; i++) {
                     rest[i] = input[256 + 64 * (k / 4) + (k / 2 % 2 * 4 + i / 4) * 8 + k % 2 * 4 + i % 4] - 128;
                 }
+                even[k] = Costs.turned(rest)[0];
                 int[] level = Costs.levels(rest, chroma, true);
                 for (int i = 1; i < 16; i++) {
                     Check.due("P20 chroma LEVEL " + i + " of " + k + ", STEP " + chroma, v.level(0, 19 + k, i), level[i]);
                 }
+            }
+            int add = 2 * ((1 << 15 + chroma / 6) / 3);
+            for (int k = 0; k < 8; k++) {
+                int w = 0;
+                for (int c = 0; c < 4; c++) {
+                    // rows + + + +, + - + -, + + - -, + - - +
+                    int sign = (c & k & 1) + (c & k & 2) / 2;
+                    w += sign % 2 == 0 ? even[k / 4 * 4 + c] : -even[k / 4 * 4 + c];
+                }
+                int due = Costs.level(w, Costs.of(Costs.MEASURE, chroma, 0, 0), add, 16 + chroma / 6);
+                Check.due("P20 EVEN 4, " + k + ", STEP " + chroma, v.level(0, 17 + k / 4, k % 4), due);
             }
         }
     }

@@ -14,6 +14,7 @@ public final class EndTest {
         ownRules();
         strengthOfI();
         strengthOfTotals();
+        strengthOfOne();
         strengthOfPictures();
         strengthOfTwo();
         strengthOfDirect();
@@ -242,6 +243,10 @@ public final class EndTest {
                         20 * (down / 16 * 3 + to / 16) + 100);
             }
         }
+        // none above, none at the left: as it is in the PICTURE before
+        VideoSuite first = ended(copy(s).add(s.head(1, 0).at(1, 2).from(1).off(1, 0, 0).data().type(0).move(40, 40).pattern(0)
+                .unit()), 3);
+        Check.due("P10 the first BLOCK", first.sample(1, 0, 6, 7), 3 * 6 + 4 * 7);
         // its last piece counts; by list 1 alone: 0 0
         d = s.head(1, 0).at(1, 2).off(1, 0, 0).data().type(3).sub(0, 0, 0, 3);
         d.move(40, 0, 0, 0, 0, 0, 0, 0, 0, 0, 0, 0, -12, 24);
@@ -387,6 +392,37 @@ public final class EndTest {
         v = ended(copy(s).add(d.skipped(3).unit()), 0);
         Check.due("P21 TOTAL of p", v.edge(1, 0, 0), 2);
         Check.due("P21 beside it", v.edge(1, 2, 0), 0);
+    }
+
+    /** One LEVEL in one piece of 2 by 2 BLOCKS: 2 at its edges, and at those behind it. */
+    private static void strengthOfOne() {
+        Streams s = base(1);
+        for (int one = 0; one < 64; one++) {
+            Data d = s.head(1, 0).at(1, 2).data().skipped(one / 16).type(0).move(0, 0).pattern(2 + one / 4 % 4).more(0);
+            for (int i = 0; i < 4; i++) {
+                Codes.ones(d, 0, 16, i == one % 4 ? 1 : 0);
+            }
+            VideoSuite v = ended(copy(s).add(d.skipped(3 - one / 16).unit()), 0);
+            Check.due("P24 FAULTS", v.count(4), 0);
+            for (int i = 0; i < 128; i++) {
+                int q = i / 2;
+                int x = column(q) - (i % 2 == 0 ? 1 : 0);
+                int y = row(q) - i % 2;
+                boolean isOut = x < 0 || y < 0;
+                boolean isTwo = q == one || x == column(one) && y == row(one);
+                Check.due("P21 a LEVEL of piece " + one + ", at " + q + " way " + i % 2, v.edge(q / 16, q % 16, i % 2),
+                        isTwo && !isOut ? 2 : 0);
+            }
+        }
+    }
+
+    /** Where a piece stands in 2 by 2 BLOCKS, in pieces. */
+    private static int column(int piece) {
+        return piece / 16 % 2 * 4 + piece / 4 % 2 * 2 + piece % 2;
+    }
+
+    private static int row(int piece) {
+        return piece / 32 * 4 + piece / 8 % 2 * 2 + piece / 2 % 2;
     }
 
     private static Data pair(Streams s, int n, int[] a, int[] b) {

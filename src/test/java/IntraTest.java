@@ -487,14 +487,15 @@ public final class IntraTest {
         sixteens();
         colours();
         // the plane goes on above 255, or below 0
-        for (int down = 0; down < 2; down++) {
+        for (int down = 0; down < 3; down++) {
             for (int p = 0; p < 3; p++) {
                 int n = p == 0 ? 16 : 8;
                 for (int i = 0; i < planes[p].length; i++) {
                     int x = i % (3 * n);
                     int y = i / (3 * n);
                     int v = clip(Math.max(x - n, y - n) * 17 * 16 / n);
-                    planes[p][i] = down == 1 ? 255 - v : v;
+                    // the third one goes up to 256 and a little more
+                    planes[p][i] = down == 2 ? clip(240 + Math.max(x - n, y - n)) : down == 1 ? 255 - v : v;
                 }
             }
             sixteens();
