@@ -461,6 +461,26 @@ public final class CoderTest {
             reserve = Math.max(0, Math.min(3600, reserve + 900 - v.coded(i, 0)));
             Check.due("P33 RESERVE", v.coded(i, 6), reserve);
         }
+        // 6 more each time, 51 at most
+        for (int q = 12; q < 52; q++) {
+            VideoSuite m = open(0, 1, 1, 1, 3, q, 16, 1);
+            m.paint(2, 0, 128, q);
+            m.encode();
+            Check.due("P33 STEP from " + q, m.coded(0, 1), 51);
+            Check.due("P33 tries from " + q, m.coded(0, 3), 1 + (51 - q + 5) / 6);
+        }
+        // more than the budget, but not more than RESERVE has besides
+        VideoSuite o = open(0, 1, 1, 1, 4, 40, 10, 0, 16, 1000);
+        for (int i = 0; i < 6; i++) {
+            o.encode();
+        }
+        o.paint(2, 0, 128, 5);
+        o.encode();
+        Check.due("P33 RESERVE before", o.coded(5, 6), 4000);
+        Check.due("P33 bits above the budget", o.coded(6, 0) > 1000 && o.coded(6, 0) <= 5000 ? 1 : 0, 1);
+        Check.due("P33 it fits by RESERVE: tries", o.coded(6, 3), 1);
+        Check.due("P33 it fits by RESERVE: STEP", o.coded(6, 1), 40);
+        Check.due("P33 RESERVE behind", o.coded(6, 6), Math.min(4000, 5000 - o.coded(6, 0)));
         // what is less than budget and RESERVE fits at once
         VideoSuite e = open(0, 1, 1, 1, 3, 12, 16, 1000000);
         e.paint(2, 0, 128, 5);

@@ -28,6 +28,7 @@ public final class CodingTest {
         noiseOfOne();
         emulation();
         slicesToTheByte();
+        drawnFourBlocks();
         Check.end();
     }
 
@@ -768,6 +769,54 @@ public final class CodingTest {
         for (int i = 0; i < due.length; i++) {
             int at = i;
             Check.answers("P6 byte " + i + " of " + what, due[i] & 255, () -> v.unitByte(k, at));
+        }
+    }
+
+    /** An OWN picture of 2 by 2: which modes may be is told by what is THERE. */
+    private static void drawnFourBlocks() {
+        int[] ways = new int[4];
+        for (int seed = 0; seed < 80; seed++) {
+            VideoSuite v = open(0, 2, 1, 2, 8, 1, 9, seed, 2, seed % 2, 3, 20);
+            v.paint(2, 0, 128, seed);
+            v.encode();
+            decoded(v);
+            chance = seed;
+            for (int mb = 0; mb < 4; mb++) {
+                String what = "P29 BLOCK " + mb + " by seed " + seed;
+                boolean left = mb % 2 == 1;
+                boolean above = mb > 1;
+                int t = draw(16);
+                if (t == 0 && draw(8) == 0) {
+                    Check.due(what + ": RAW", v.block(mb, 0), 2);
+                    continue;
+                }
+                boolean isSixteen = t < 8;
+                Check.due(what + ": kind", v.block(mb, 0), isSixteen ? 1 : 0);
+                if (isSixteen) {
+                    String may = (above ? "0" : "") + (left ? "1" : "") + "2" + (mb == 3 ? "3" : "");
+                    Check.due(what + ": mode", v.block(mb, 8), may.charAt(draw(may.length())) - '0');
+                }
+                for (int b = 0; b < 16 && !isSixteen; b++) {
+                    boolean l = left || b % 2 == 1 || b / 4 % 2 == 1;
+                    boolean a = above || b / 2 % 2 == 1 || b >= 8;
+                    boolean isFirst = b == 0 && mb != 3;
+                    String may = (a ? "0" : "") + (l ? "1" : "") + "2" + (a ? "3" : "")
+                            + (a && l && !isFirst ? "456" : "") + (a ? "7" : "") + (l ? "8" : "");
+                    Check.due(what + ": mode of " + b, v.block(mb, 8 + b), may.charAt(draw(may.length())) - '0');
+                }
+                String may = "0" + (left ? "1" : "") + (above ? "2" : "") + (mb == 3 ? "3" : "");
+                int colours = may.charAt(draw(may.length())) - '0';
+                Check.due(what + ": colours' mode", v.block(mb, 5), colours);
+                ways[colours]++;
+                int step = drawStep(20);
+                if (isSixteen || v.block(mb, 3) + v.block(mb, 4) > 0) {
+                    Check.due(what + ": its STEP", v.block(mb, 2), step);
+                }
+            }
+            Check.due("P41 CHANCE behind seed " + seed, v.count(13), chance);
+        }
+        for (int w : ways) {
+            Check.due("each colours' mode was drawn", w > 4 ? 1 : 0, 1);
         }
     }
 }
