@@ -15,6 +15,10 @@ public final class NeighboursTest {
         for (int seed = 0; seed < 90; seed++) {
             picture(seed, 2 + seed % 3);
         }
+        // places of the same cost: the first one
+        for (int seed : new int[] {130, 187, 201, 399, 807, 983, 1146, 1923}) {
+            picture(seed, 2 + seed % 3);
+        }
         Check.end();
     }
 
