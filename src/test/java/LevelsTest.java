@@ -368,6 +368,8 @@ public final class LevelsTest {
         }
         fault("16 zeros", s, d, OUT);
         if (coding == 0) {
+            VideoSuite w = decoded(s, d.cut());
+            Check.due("P25 16 zeros are no ELEMENT: TOKEN is the last", w.element(w.count(8) - 1, 2), 4);
             byte[] cut = one(s).code(13, zero(15)).cut();
             VideoSuite v = decoded(s, cut);
             int place = v.fault(0, 1);

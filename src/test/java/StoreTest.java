@@ -7,6 +7,7 @@ public final class StoreTest {
     public static void main(String[] args) {
         turnsOfLow();
         lowOfReferences();
+        orderBehindGaps();
         lowBehindOpFive();
         ownLow();
         kindTwo();
@@ -171,6 +172,22 @@ public final class StoreTest {
             Check.due("P17 d0 " + d, decoded(w).slice(17), Math.min(6, 6 + d));
             h = u.head(1, 2).at(2, 7);
             Check.due("P17 behind d0 " + d, decoded(w.add(h.raw(1, 1, 1))).slice(17), 7);
+        }
+    }
+
+    /** One made up has neither high nor low, and its FRAME turns as that of any other. */
+    private static void orderBehindGaps() {
+        Streams s = gaps(2);
+        s.lowBits = 4;
+        s.sets().add(s.head(5, 2).raw(1, 1, 1)).add(s.head(1, 2).at(1, 7).raw(1, 1, 1));
+        s.add(s.head(1, 2).at(2, 14).raw(1, 1, 1)).add(s.head(1, 2).at(5, 2).raw(1, 1, 1));
+        Check.due("P17 behind GAPS", decoded(s).slice(17), 18);
+        for (int frame = 1; frame < 15; frame++) {
+            Streams t = gaps(2);
+            t.kind = 2;
+            t.sets().add(t.head(5, 2).raw(1, 1, 1)).add(t.head(1, 2).at(14, 0).raw(1, 1, 1));
+            t.add(t.head(1, 2).at(frame, 0).raw(1, 1, 1));
+            Check.due("P17 FRAME turns in GAPS", decoded(t).slice(17), 2 * (frame < 14 ? 16 + frame : frame));
         }
     }
 
@@ -628,6 +645,8 @@ public final class StoreTest {
         notMoved("P24 no LONG one", s, mover(s, 4, 2, 0));
         notMoved("P24 a place of N", s, mover(s, 1, 0, 0, 0, 0));
         notMoved("P24 a place of N", s, mover(s, 3, 0, 0, 0, 0, 0, 0, 1, 0));
+        same("P23 as far as they came", list(decoded(copy(s).add(mover(s, 4, 0, 2, 0, 5).skipped(1))), 0),
+                "2 6 4 0 . . . .");
         s.add(s.head(1, 2).at(4, 8).ops(4, 2, 3, 1, 1).raw(1, 1, 1));
         Streams.Head h = s.head(1, 0).at(5, 20).off(1, 0, 0).n(4).moves(0, 2, 1, 0, 0);
         moved("P23 LONG, then SHORT: p is FRAME still", s, h, "4 8 6 2 . . . .");
